@@ -1256,13 +1256,16 @@ public final class PaperHouse {
         }
 
         private int literal(int start) {
-            if (wordHere("null")) {
+            boolean truth = rowIs("true");
+            if (truth || rowIs("false")) {
+                pos = rowEnd;
+                return make(Store.TRUTH, truth ? 1 : 0, 0, start);
+            }
+            if (rowIs("null")) {
+                pos = rowEnd;
                 return make(Store.NULL, 0, 0, start);
             }
-            if (wordHere("true")) {
-                return make(Store.TRUTH, 1, 0, start);
-            }
-            return wordHere("false") ? make(Store.TRUTH, 0, 0, start) : failAt(TOKEN, start);
+            return failAt(TOKEN, start);
         }
 
         /** An array, or a dict. */
