@@ -113,10 +113,10 @@ public final class TapeTest {
         Checks.due("the tape stays", y.cut(3), 0);
         Checks.due("more of it", y.more() > 7400, true);
         for (int i = 0; i < 2; i++) {
-            Checks.due("contents more", Files.contents(y, 0, noise(7900, i + 9)) > 0, true);
+            Checks.due("contents more", Files.contents(y, 0, Files.noise(7900, i + 9)) > 0, true);
         }
         Checks.due("more of more", y.more() > 24000, true);
-        Checks.due("contents once more", Files.contents(y, 0, noise(7900, 99)) > 0, true);
+        Checks.due("contents once more", Files.contents(y, 0, Files.noise(7900, 99)) > 0, true);
         Checks.due("more is more than 30000", y.more(), -1);
         Checks.due("outs then", y.outs(), 0);
         java.util.zip.Adler32 none = new java.util.zip.Adler32();
@@ -126,16 +126,6 @@ public final class TapeTest {
     private static String largeFile() {
         return new Files().object(1, Files.CATALOG).object(2, Files.ONE_PAGE)
                 .object(3, "<< /Type /Page /Parent 2 0 R /A 4 0 R /MediaBox [ 0 0 10 20 ] >>")
-                .stream(4, "", noise(7400, 1)).table("/Root 1 0 R");
-    }
-
-    static String noise(int many, int seed) {
-        StringBuilder all = new StringBuilder();
-        long state = seed * 7919L + 13;
-        for (int i = 0; i < many; i++) {
-            state = state * 6364136223846793005L + 1442695040888963407L;
-            all.append((char) (state >>> 40 & 255));
-        }
-        return all.toString();
+                .stream(4, "", Files.noise(7400, 1)).table("/Root 1 0 R");
     }
 }

@@ -180,4 +180,14 @@ final class Files {
     static String repeat(String text, int times) {
         return text.repeat(times);
     }
+
+    static String noise(int many, int seed) {
+        StringBuilder all = new StringBuilder();
+        long state = seed * 7919L + 13;
+        for (int i = 0; i < many; i++) {
+            state = state * 6364136223846793005L + 1442695040888963407L;
+            all.append((char) (state >>> 40 & 255));
+        }
+        return all.toString();
+    }
 }
