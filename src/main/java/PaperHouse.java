@@ -96,8 +96,10 @@ public final class PaperHouse {
             begin = sections.read(begin, loader.file);
         }
         int nodes = store.nodes;
-        table.close(store.wholeEntry(sections.trailer, Store.SIZE));
         boolean goesOn = parser.fault == 0;
+        if (goesOn) {
+            table.close(store.wholeEntry(sections.trailer, Store.SIZE));
+        }
         for (int i = 0; i < ROUNDS && goesOn; i++) {
             boolean resumes = loader.isWaiting();
             int n = resumes ? loader.readBody() : loader.nextUnread();
@@ -1197,7 +1199,7 @@ public final class PaperHouse {
         }
 
         /** Reads an object, with so many arrays and dicts open around it: its node; NONE: there is a fault. */
-        int object(int depth) {
+        private int object(int depth) {
             skipWhite();
             int start = pos;
             switch (at(start)) {
@@ -2830,7 +2832,7 @@ public final class PaperHouse {
 
         private void operate(int op, int at) {
             int form = form(op);
-            int wrong = !fits(form) ? OPERATOR : !isInOrder(op) ? ORDER : lacksFont(op, form) ? NO_FONT : 0;
+            int wrong = !fits(form) ? OPERATOR : !isInOrder(op) ? ORDER : !findsFont(form) ? NO_FONT : 0;
             if (wrong == 0) {
                 wrong = form == A_STRING || form == PIECES ? showText(op, form) : work(op);
             }
@@ -2928,20 +2930,19 @@ public final class PaperHouse {
             }
         }
 
-        private boolean lacksFont(int op, int form) {
+        /** Whether a string that is shown has a font; or one is found by its name, which is the font from then on. */
+        private boolean findsFont(int form) {
             if (form == NAME_AND_SIZE) {
                 int fonts = table.dict(store.entry(resources(), Store.FONT));
                 int entry = store.entry(fonts, operand(0));
                 int font = table.dict(entry);
-                if (!readFont(font)) {
-                    return true;
-                }
+                boolean found = readFont(font);
                 state[FONT] = font;
                 state[FONT_OBJECT] = table.target(entry);
-                return false;
+                return found;
             }
             boolean shows = form == A_STRING || form == PIECES && hasString(operand(0));
-            return shows && state[FONT] < 0;
+            return !shows || state[FONT] >= 0;
         }
 
         private int resources() {
@@ -3818,9 +3819,11 @@ public final class PaperHouse {
 
         /** Codes stand with their highest bit first. */
         private void pushCode(int value, int many) {
-            for (int i = many - 1; i >= 0; i--) {
-                push(value >> i & 1, 1);
+            int turned = 0;
+            for (int i = 0; i < many; i++) {
+                turned = turned << 1 | value >> i & 1;
             }
+            push(turned, many);
         }
 
         private void pushSymbol(int symbol) {
