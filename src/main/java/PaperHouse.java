@@ -3922,8 +3922,9 @@ public final class PaperHouse {
                 if (other >= at || at - other > FARTHEST || best >= most) {
                     break;
                 }
+                // What does not go on where the best one ends is no longer than that.
                 int same = 0;
-                while (same < most && bytes[other + same] == bytes[at + same]) {
+                while (bytes[other + best] == bytes[at + best] && same < most && bytes[other + same] == bytes[at + same]) {
                     same++;
                 }
                 if (same > best) {
