@@ -46,6 +46,7 @@ public final class FrameTest {
         String far = good.replace("\n" + digits + "\n", "\n2147483647\n");
         Checks.refuses("just a whole", far, 3, far.length());
         Checks.loads("two of them", good.replace("startxref", "startxref 7 startxref"), 0);
+        Checks.refuses("a section at 0", good.replace("\n" + digits + "\n", "\n0\n"), 3, 0);
         Checks.refuses("no section there", good.replace("\n" + digits + "\n", "\n9\n"), 3, 9);
         Checks.refuses("one byte ahead", good.replace("\n" + digits + "\n", "\n" + (begin - 1) + "\n"), 3, begin - 1);
     }
@@ -107,6 +108,7 @@ public final class FrameTest {
         PaperHouse x = Checks.loads("Size 200", with(head + "trailer << /Size 200 /Root 1 0 R >>\n"), 0);
         Checks.due("Size 200: count(0)", x.count(0), 200);
         Checks.due("Size 200: objects", x.objects(), 2);
+        Checks.refuses("Size 1", with("xref\n0 1\n0000000000 65535 f \ntrailer << /Size 1 /Root 1 0 R >>\n"), 10, 0);
         Checks.refuses("Prev below 0", with(head + "trailer << /Size 3 /Root 1 0 R /Prev -1 >>\n"), 3, BEGIN);
         Checks.refuses("Prev null", with(head + "trailer << /Size 3 /Root 1 0 R /Prev null >>\n"), 3, BEGIN);
         Checks.refuses("Encrypt", with(head + "trailer << /Size 201 /Encrypt null >>\n"), 9, BEGIN);
@@ -257,6 +259,8 @@ public final class FrameTest {
 
     private static void rowPairs() {
         Checks.refuses("a pair above 200", rows(TOLD + " /Index [ 1 200 ]", DATA), 5, BEGIN);
+        Checks.refuses("a pair of just 200", rows(TOLD + " /Index [ 0 4 200 0 9 191 ]", DATA), 3, BEGIN);
+        Checks.loads("a pair at 200", rows(TOLD + " /Index [ 0 4 200 0 ]", DATA), 0);
         Checks.refuses("a pair far above 200", rows(TOLD + " /Index [ 2147483647 2147483647 ]", DATA), 5, BEGIN);
         Checks.refuses("a pair above 200 behind a wrong one", rows(TOLD + " /Index [ 0 5 1 200 ]", DATA), 3, BEGIN);
         Checks.refuses("a pair above 200 behind a good one", rows(TOLD + " /Index [ 0 4 1 200 ]", DATA), 5, BEGIN);

@@ -201,6 +201,10 @@ public final class ShowTest {
             Files.contents(x, 0, "/F 1 Tf");
             Checks.due("font " + font, x.show(0), -113);
         }
+        PaperHouse all = house("<< /Type /Font /FirstChar 0 /LastChar 255 /Widths [ " + Files.repeat("7 ", 256) + "] >>");
+        Files.contents(all, 0, "/F 1000 Tf BT (\\000\\377) Tj ET");
+        Checks.due("256 widths", all.show(0), 2);
+        Checks.due("the width of 0", all.glyph(1, 1), 7 * ONE);
         PaperHouse none = Checks.loads("no Resources", Files.paged().table("/Root 1 0 R"), 1);
         Files.contents(none, 0, "/F 1 Tf");
         Checks.due("no Resources: show", none.show(0), -113);

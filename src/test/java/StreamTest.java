@@ -15,7 +15,9 @@ public final class StreamTest {
         hexWrong();
         flate();
         flateWrong();
+        flateTables();
         predictors();
+        randomPredictors();
         predictorsWrong();
         manyBytes();
         objectStreams();
@@ -211,6 +213,58 @@ public final class StreamTest {
         decodes("three blocks", "/Filter /FlateDecode", stored.zlib("hi"), "hi");
     }
 
+    /** Rows of all lengths, at distances of all kinds, and codes of many sizes, coded by the library. */
+    private static void flateTables() {
+        for (int from = 3; from <= 258; from += 15) {
+            StringBuilder text = new StringBuilder();
+            for (int length = from; length < from + 15 && length <= 258; length++) {
+                String noise = Files.noise(length, length);
+                text.append(noise).append((char) (length & 255)).append(noise).append("..");
+            }
+            if (text.length() <= 8000) {
+                decodes("lengths from " + from, "/Filter /FlateDecode", Files.deflated(text.toString()), text.toString());
+            }
+        }
+        for (int distance = 10; distance < 7900; distance = distance * 9 / 8 + 1) {
+            Bits bits = new Bits().add(1, 1).add(1, 2);
+            String noise = Files.noise(distance, 17);
+            for (int i = 0; i < distance; i++) {
+                int c = noise.charAt(i);
+                bits.code(c < 144 ? 48 + c : 256 + c, c < 144 ? 8 : 9);
+            }
+            int kind = 2;
+            int base = 3;
+            int more = 0;
+            while (kind < 29 && distance >= base + (1 << more)) {
+                base += 1 << more;
+                kind++;
+                more = Math.max(0, kind / 2 - 1);
+            }
+            bits.code(1, 7).code(kind, 5).add(distance - base, more).code(0, 7);
+            String data = bits.zlib(noise + noise.substring(0, 3));
+            if (data.length() < 7400) {
+                decodes("distance " + distance, "/Filter /FlateDecode", data, noise + noise.substring(0, 3));
+            }
+        }
+        StringBuilder skewed = new StringBuilder();
+        int many = 1;
+        int before = 1;
+        for (int c = 0; skewed.length() + many < 7500; c++) {
+            skewed.append(Files.repeat("" + (char) (c * 7 + 3), many));
+            int sum = many + before;
+            before = many;
+            many = sum;
+        }
+        StringBuilder mixed = new StringBuilder();
+        for (int i = 0; i < skewed.length(); i++) {
+            mixed.append(skewed.charAt((int) ((i * 4099L) % skewed.length())));
+        }
+        for (int level = 1; level <= 9; level += 4) {
+            decodes("skewed", "/Filter /FlateDecode", Files.deflated(mixed.toString(), level, Deflater.HUFFMAN_ONLY), mixed.toString());
+            decodes("skewed rows", "/Filter /FlateDecode", Files.deflated(mixed.toString(), level, Deflater.DEFAULT_STRATEGY), mixed.toString());
+        }
+    }
+
     private static void flateBad(String what, String data) {
         wrong(what, stream("/Filter /FlateDecode", data), 8);
     }
@@ -272,6 +326,37 @@ public final class StreamTest {
         decodes("Paeth", head, Files.deflated(paeth), "\12\24\36" + "\13\25\37");
         String upLeft = "\0\144\12\12" + "\0\12\144\12" + "\4\0\0\0";
         decodes("Paeth's choices", head, Files.deflated(upLeft), "\144\12\12" + "\12\144\12" + "\12\144\12");
+    }
+
+    /** Rows of all kinds, taken back by the published words: Paeth's guess is the nearest of three. */
+    private static void randomPredictors() {
+        for (int columns = 1; columns <= 40; columns += 13) {
+            String noise = Files.noise(60 * (columns + 1), columns);
+            StringBuilder rows = new StringBuilder();
+            StringBuilder want = new StringBuilder();
+            for (int row = 0; row < 60; row++) {
+                int kind = row % 5;
+                rows.append((char) kind);
+                for (int i = 0; i < columns; i++) {
+                    int value = noise.charAt(row * (columns + 1) + i);
+                    int at = want.length();
+                    int left = i > 0 ? want.charAt(at - 1) : 0;
+                    int above = row > 0 ? want.charAt(at - columns) : 0;
+                    int corner = i > 0 && row > 0 ? want.charAt(at - columns - 1) : 0;
+                    int[] guesses = {0, left, above, (left + above) / 2, left};
+                    for (int guess : new int[] {above, corner}) {
+                        int far = Math.abs(left + above - corner - guess);
+                        if (far < Math.abs(left + above - corner - guesses[4])) {
+                            guesses[4] = guess;
+                        }
+                    }
+                    rows.append((char) (value - guesses[kind] & 255));
+                    want.append((char) value);
+                }
+            }
+            decodes("rows of " + columns, "/Filter /FlateDecode /DecodeParms << /Predictor 15 /Columns " + columns + " >>",
+                    Files.deflated(rows.toString()), want.toString());
+        }
     }
 
     private static String counting(int many) {

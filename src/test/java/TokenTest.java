@@ -132,6 +132,7 @@ public final class TokenTest {
         letters("(\\1\\12\\101\\1234\\8\\777)", 5, "\u0001\nAS48\u00ff");
         letters("(a\\\rb\\\nc\\\r\nd\\\n\re)", 5, "abcd\ne");
         letters("(\\x\\%\\ )", 5, "x% ");
+        letters("(\\060\\0539\\0\\7)", 5, "0+9\0\u0007");
         letters("(%no remark)", 5, "%no remark");
         letters("<>", 5, "");
         letters("<4142>", 5, "AB");

@@ -142,7 +142,11 @@ public final class WriteTest {
             String two = coded("abcdefgh" + filler + "hgfedcba");
             Checks.due("a row at distance " + far, out.length() < two.length(), far == 2000);
         }
-        String[] texts = {Files.noise(8000, 4), Files.repeat("abcde", 1600), Files.repeat("\0", 8000)};
+        StringBuilder lengths = new StringBuilder();
+        for (int length = 3; length <= 120; length += 1 + length / 16) {
+            lengths.append(Files.noise(length, length)).append((char) length).append(Files.noise(length, length)).append('.');
+        }
+        String[] texts = {Files.noise(8000, 4), lengths.substring(0, Math.min(8000, lengths.length())), distances(), Files.repeat("abcde", 1600), Files.repeat("\0", 8000)};
         for (String text : texts) {
             Inflater inflater = new Inflater();
             inflater.setInput(Files.bytes(coded(text)));
@@ -151,6 +155,15 @@ public final class WriteTest {
             Checks.due("decoded", Files.text(room).substring(0, many), text);
             Checks.due("finished", inflater.finished(), true);
         }
+    }
+
+    /** Rows of four at distances of all kinds up to 2000. */
+    private static String distances() {
+        StringBuilder text = new StringBuilder(Files.noise(2100, 8));
+        for (int distance = 4; distance <= 2000; distance = distance * 5 / 4 + 1) {
+            text.append((char) (distance & 255)).append(text, text.length() - distance, text.length() - distance + 4);
+        }
+        return text.toString();
     }
 
     private static void moreOfNothing() {
