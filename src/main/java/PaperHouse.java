@@ -913,6 +913,7 @@ public final class PaperHouse {
         static final int LIMIT = 5;
         private static final int WORD = NONE;
         private static final int OPEN_MOST = 20;
+        private static final int DIGITS_MOST = 9;
         private static final int NAME_MOST = 60;
         private static final int STRING_MOST = 2000;
         // More than any number that is asked for, and less than a long holds.
@@ -929,6 +930,7 @@ public final class PaperHouse {
         private int firstNode;
         private int firstText;
         private boolean references;
+        private int rowAt;
         private int rowEnd;
         private int rowKind;
         private int rowValue;
@@ -960,6 +962,7 @@ public final class PaperHouse {
             end = Math.max(0, Math.min(behind, source.length));
             from = Math.max(0, Math.min(first, end));
             pos = from;
+            rowAt = NONE;
         }
 
         /** Keeps the first fault; answers NONE, for the caller to hand on. */
@@ -1065,50 +1068,49 @@ public final class PaperHouse {
 
         /** Looks at the row of regular bytes at pos: what number it is, or that it is a word. */
         private void lookAtRow() {
-            int p = pos;
-            while (p < end && isRegular(at(p))) {
-                p++;
+            if (rowAt == pos) {
+                return;
             }
-            rowEnd = p;
-            rowKind = WORD;
-            rowBeyond = false;
-            int c = at(pos);
-            rowSigned = c == '+' || c == '-';
-            boolean minus = c == '-';
+            rowAt = pos;
+            rowSigned = false;
+            boolean minus = false;
+            boolean word = false;
             int points = 0;
             int before = 0;
             int behind = 0;
             long whole = 0;
             long part = 0;
             long scale = 1;
-            for (int i = rowSigned ? pos + 1 : pos; i < rowEnd; i++) {
-                c = at(i);
-                if (c == '.') {
-                    points++;
-                } else if (!isDigit(c)) {
-                    return;
-                } else if (points == 0) {
+            int p = pos;
+            for (; p < end; p++) {
+                int c = at(p);
+                if (isDigit(c) && points == 0) {
                     before++;
                     whole = Math.min(whole * 10 + (c - '0'), FAR);
-                } else {
+                } else if (isDigit(c)) {
                     behind++;
-                    if (behind <= 9) {
-                        part = part * 10 + (c - '0');
-                        scale *= 10;
-                    }
+                    part = behind > DIGITS_MOST ? part : part * 10 + (c - '0');
+                    scale = behind > DIGITS_MOST ? scale : scale * 10;
+                } else if (c == '.') {
+                    points++;
+                } else if (p == pos && (c == '+' || c == '-')) {
+                    rowSigned = true;
+                    minus = c == '-';
+                } else if (isRegular(c)) {
+                    word = true;
+                } else {
+                    break;
                 }
             }
-            if (points > 1 || before + behind == 0) {
-                return;
-            }
-            rowKind = points == 0 ? Store.WHOLE : Store.REAL;
+            rowEnd = p;
+            rowKind = word || points > 1 || before + behind == 0 ? WORD : points == 0 ? Store.WHOLE : Store.REAL;
             if (points == 1) {
-                rowBeyond = before > 9 || behind > 9;
                 whole = whole * 65536 + (part * 131072 + scale) / Math.max(1, 2 * scale);
             }
             long value = minus ? -whole : whole;
-            rowBeyond = rowBeyond || value < Integer.MIN_VALUE || value > Integer.MAX_VALUE;
             rowValue = (int) value;
+            rowBeyond = points == 1 && (before > DIGITS_MOST || behind > DIGITS_MOST)
+                    || value < Integer.MIN_VALUE || value > Integer.MAX_VALUE;
         }
 
         private boolean rowIs(String text) {
