@@ -208,6 +208,9 @@ public final class ChangeTest {
         Checks.due("Title there", Files.info(y, 0, "new"), 4);
         Checks.due("Info then", written(y, 4), "<< /Title (new) /X 1 >>");
         Checks.due("it is changed", y.count(6), 1);
+        PaperHouse z = Checks.loads("Info is Root", Files.paged().table("/Root 1 0 R /Info 1 0 R"), 1);
+        Checks.due("Author of Root", Files.info(z, 1, "me"), 1);
+        Checks.due("Root then", written(z, 1), "<< /Type /Catalog /Pages 2 0 R /Author (me) >>");
     }
 
     private static void newNumbers() {

@@ -110,6 +110,7 @@ public final class FrameTest {
         Checks.due("Size 200: objects", x.objects(), 2);
         Checks.refuses("Size 1", with("xref\n0 1\n0000000000 65535 f \ntrailer << /Size 1 /Root 1 0 R >>\n"), 10, 0);
         Checks.refuses("Prev below 0", with(head + "trailer << /Size 3 /Root 1 0 R /Prev -1 >>\n"), 3, BEGIN);
+        Checks.refuses("Prev 0", with(head + "trailer << /Size 3 /Root 1 0 R /Prev 0 >>\n"), 3, 0);
         Checks.refuses("Prev null", with(head + "trailer << /Size 3 /Root 1 0 R /Prev null >>\n"), 3, BEGIN);
         Checks.refuses("Encrypt", with(head + "trailer << /Size 201 /Encrypt null >>\n"), 9, BEGIN);
         Checks.refuses("XRefStm", with(head + "trailer << /XRefStm 5 >>\n"), 9, BEGIN);
@@ -211,6 +212,8 @@ public final class FrameTest {
         Checks.due("rows: the stream itself", x.go(3), 9);
         Checks.due("rows: its bytes", Files.data(x, 3), DATA);
         Checks.loads("rows behind white", rows(" %x\n3 0 obj", TOLD, DATA, "endstream endobj "), 0);
+        Checks.loads("number 1", rows("1 0 obj", TOLD + " /Index [ 1 2 ]", DATA.substring(4, 12), "\nendstream\nendobj\n"), 0);
+        Checks.loads("number 199", rows("199 0 obj", TOLD + " /Index [ 1 2 ]", DATA.substring(4, 12), "\nendstream\nendobj\n"), 0);
         Checks.loads("rows with Index", rows(TOLD + " /Index [ 1 2 ]", DATA.substring(4, 12)), 0);
         Checks.loads("rows with two pairs", rows(TOLD + " /Index [ 2 1 9 0 1 1 ]", DATA.substring(8, 12) + DATA.substring(4, 8)), 0);
         String flate = Files.deflated(DATA);

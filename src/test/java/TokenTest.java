@@ -81,6 +81,8 @@ public final class TokenTest {
         value("0.000007629", 3, 0);
         value("0.000007630", 3, 1);
         value("0.5000076", 3, 32768);
+        value("0.000022888", 3, 1);
+        value("0.000022889", 3, 2);
         value("-32768.0", 3, Integer.MIN_VALUE);
         value("32767.99999", 3, Integer.MAX_VALUE);
         value("000032767.000000000", 3, 32767 * 65536);

@@ -55,10 +55,10 @@ public final class WriteTest {
         Checks.due("each once", whole(y).contains("<< /Size 3 /Root 1 0 R /Info 1 0 R >>"), true);
         PaperHouse w = Checks.loads("a stream's dict", new Files().object(1, "<< /Type /Catalog /S 3 0 R /Pages 2 0 R >>")
                 .object(2, Files.NO_PAGES)
-                .object(3, "<< /Length 5 0 R /X 4 0 R /DecodeParms null >> stream\nabc\nendstream").object(4, "(x)").object(5, "3")
+                .object(3, "<< /Length 5 0 R /X 4 0 R /Y << /Length 7 >> /DecodeParms null >> stream\nabc\nendstream").object(4, "(x)").object(5, "3")
                 .table("/Root 1 0 R"), 0);
         String streamed = whole(w);
-        Checks.due("its dict", streamed.contains("2 0 obj\n<< /X 4 0 R /Length 11 /Filter /FlateDecode >>\nstream\nx\u009cKLJ\6\0"), true);
+        Checks.due("its dict", streamed.contains("2 0 obj\n<< /X 4 0 R /Y << /Length 7 >> /Length 11 /Filter /FlateDecode >>\nstream\nx\u009cKLJ\6\0"), true);
         Checks.due("its objects", streamed.contains("\nendstream\nendobj\n3 0 obj\n<< /Type /Pages /Kids [ ] /Count 0 >>\nendobj\n4 0 obj\n(x)\nendobj\nxref\n0 5\n"), true);
     }
 
@@ -100,6 +100,9 @@ public final class WriteTest {
         value("(\\177\\n)", "<7F0A>");
         value("<aBcD>", "<ABCD>");
         value("<6162>", "(ab)");
+        value("(\\177)", "<7F>");
+        value("(\\037)", "<1F>");
+        value("<< /Length 5 /Filter /A /DecodeParms null >>", "<< /Length 5 /Filter /A /DecodeParms null >>");
         value("[[]<<>>[1(x)]]", "[ [ ] << >> [ 1 (x) ] ]");
         value("<</A<</B/C>>>>", "<< /A << /B /C >> >>");
         value("[2 0 R 7 0 R 2 5 R]", "[ 2 0 R null null ]");
