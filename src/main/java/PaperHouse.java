@@ -10,6 +10,8 @@ public final class PaperHouse {
     private static final int TAPE_ROOM = 8000;
     private static final int DEEPEST = 24;
     private static final int STREAM = 9;
+    private static final int GREATEST = 2147483647;
+    private static final int LEAST = -2147483648;
 
     // More than there can be: each object is read once, and a stream's bytes are looked at twice.
     private static final int ROUNDS = 1000;
@@ -1110,7 +1112,7 @@ public final class PaperHouse {
             long value = minus ? -whole : whole;
             rowValue = (int) value;
             rowBeyond = points == 1 && (before > DIGITS_MOST || behind > DIGITS_MOST)
-                    || value < Integer.MIN_VALUE || value > Integer.MAX_VALUE;
+                    || value < LEAST || value > GREATEST;
         }
 
         private boolean rowIs(String text) {
@@ -2089,7 +2091,7 @@ public final class PaperHouse {
                     parser.fail(SECTION, start);
                     return false;
                 }
-                int place = (int) Math.min(parser.digits(), Integer.MAX_VALUE);
+                int place = (int) Math.min(parser.digits(), GREATEST);
                 parser.pos = start + 11;
                 int generation = (int) parser.digits();
                 boolean free = parser.at(start + 17) == 'f';
@@ -2197,8 +2199,8 @@ public final class PaperHouse {
                     return false;
                 }
                 // What is above all that can be asked for never fits, like the greatest whole itself.
-                int place = (int) Math.min(second, Integer.MAX_VALUE);
-                int generation = third > Integer.MAX_VALUE ? NONE : (int) third;
+                int place = (int) Math.min(second, GREATEST);
+                int generation = third > GREATEST ? NONE : (int) third;
                 table.tell(first + k, kind == 0 ? Table.FREE : kind == 1 ? Table.AT : Table.IN, place, generation);
                 highest = Math.max(highest, first + k);
             }
@@ -2294,7 +2296,7 @@ public final class PaperHouse {
             }
             int digitsAt = parser.pos;
             long number = parser.digits();
-            if (number < 0 || number > Integer.MAX_VALUE) {
+            if (number < 0 || number > GREATEST) {
                 return parser.fail(START, digitsAt);
             }
             if (!passesBlanks() || !passes(END, START)) {
@@ -3039,9 +3041,9 @@ public final class PaperHouse {
                     return nextLine(x, y) ? 0 : FAR;
                 case 'T' * 256 + 'D':
                     state[TL] = -y;
-                    return y != Integer.MIN_VALUE && nextLine(x, y) ? 0 : FAR;
+                    return y != LEAST && nextLine(x, y) ? 0 : FAR;
                 case 'T' * 256 + '*':
-                    return state[TL] != Integer.MIN_VALUE && nextLine(0, -state[TL]) ? 0 : FAR;
+                    return state[TL] != LEAST && nextLine(0, -state[TL]) ? 0 : FAR;
                 case 'T' * 256 + 'm':
                     giveOperands();
                     System.arraycopy(given, 0, text, 0, 6);
