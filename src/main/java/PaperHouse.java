@@ -2032,7 +2032,7 @@ public final class PaperHouse {
                 }
             }
             if (begun >= MOST) {
-                return parser.fail(Parser.LIMIT, begin);
+                return parser.fail(Parser.LIMIT, Math.min(begin, parser.end));
             }
             if (begin < 0 || begin >= parser.end) {
                 return parser.fail(SECTION, parser.end);

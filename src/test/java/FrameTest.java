@@ -149,22 +149,23 @@ public final class FrameTest {
             at = ten.section("/Size 3 /Root 1 0 R /Prev " + at);
         }
         Checks.due("ten: count(3)", Checks.loads("ten", ten.end(at), 0).count(3), 10);
-        int last = at;
-        for (int prev : new int[] {9, 7999, last}) {
-            Files eleven = Files.empty();
-            at = eleven.section("/Size 3 /Root 1 0 R /Prev " + String.format("%04d", prev));
-            int first = at;
-            for (int i = 2; i <= 10; i++) {
-                at = eleven.section("/Size 3 /Root 1 0 R /Prev " + String.format("%04d", at));
-            }
-            if (prev == last) {
-                String file = eleven.end(at).replaceFirst("/Prev 0*" + last + " ", "/Prev " + String.format("%04d", at) + " ");
-                Checks.refuses("the eleventh was read", file, 3, at);
-            } else {
-                Checks.refuses("the eleventh", eleven.end(at), 5, prev);
-            }
-            Checks.due("sections stand apart", first < at, true);
+        String file = eleven(9);
+        int length = file.length();
+        for (int prev : new int[] {0, 9, length - 1, length, length + 1, 7999, 2147483647}) {
+            Checks.refuses("the eleventh at " + prev, eleven(prev), 5, Math.min(prev, length));
         }
+        int read = Integer.parseInt(file.substring(file.lastIndexOf("startxref") + 10, length - 7));
+        Checks.refuses("the eleventh was read", eleven(read), 3, read);
+    }
+
+    /** A file of ten sections, the eldest of which tells of one more. */
+    private static String eleven(int prev) {
+        Files files = Files.empty();
+        int at = files.section("/Size 3 /Root 1 0 R /Prev " + String.format("%010d", prev));
+        for (int i = 2; i <= 10; i++) {
+            at = files.section("/Size 3 /Root 1 0 R /Prev " + String.format("%010d", at));
+        }
+        return files.end(at);
     }
 
     private static void entries() {
