@@ -1170,6 +1170,17 @@ public final class PaperHouse {
             return number;
         }
 
+        /** The number of the row of digits that stands at pos; NONE: the row there is another one, and stays. */
+        long rowOfDigits() {
+            int start = pos;
+            long number = digits();
+            if (isRegular(at(pos))) {
+                pos = start;
+                return NONE;
+            }
+            return number;
+        }
+
         /** A word of up to two bytes at pos, as one number; 0: another word; NONE: what stands there is none. */
         int operator() {
             if (!isRegular(at(pos))) {
@@ -2061,12 +2072,12 @@ public final class PaperHouse {
         private boolean readTable(int begin) {
             for (int i = 0; i <= parser.end; i++) {
                 parser.skipBlanks();
-                long first = parser.digits();
+                long first = parser.rowOfDigits();
                 if (first < 0 && i > 0) {
                     return parser.word("trailer");
                 }
                 parser.skipBlanks();
-                long many = parser.digits();
+                long many = parser.rowOfDigits();
                 if (first < 0 || many < 0) {
                     return false;
                 }

@@ -89,12 +89,32 @@ public final class FrameTest {
         Checks.refuses("above 200", with("xref\n1 200\n" + entries + ROOT), 5, BEGIN);
         Checks.refuses("far above 200", with("xref\n99999999999999999999 0\n" + entries + ROOT), 5, BEGIN);
         Checks.refuses("just 200", with("xref\n0 200\n" + entries + ROOT), 3, BEGIN + 11 + 60);
+        rowsOfDigits(entries);
         String bad = "xref\n0 3\n0000000000 65535 f \nAAAA 0000 nn \nBBBB 00000 n \n" + ROOT;
         Checks.refuses("a wrong entry", with(bad), 3, BEGIN + 29);
         Checks.refuses("an entry of another kind", with("xref\n0 3\n" + entries.replace("00 f", "00 g").replace("35 f", "35 g") + ROOT), 3, BEGIN + 9);
         Checks.refuses("an entry that ends otherwise", with("xref\n0 3\n" + entries.replace(" f \n", " f\n\n") + ROOT), 3, BEGIN + 9);
         Checks.refuses("a trailer of no token", with("xref\n0 3\n" + entries + "trailer\n<< /Size ) >>"), 4, BEGIN + 9 + 60 + 17);
         Checks.refuses("a trailer that has a name twice", with("xref\n0 3\n" + entries + "trailer\n<< /A 1 /A 2 >>"), 5, BEGIN + 9 + 60 + 16);
+    }
+
+    /** FIRST and MANY are rows as long as can be: what is no row of digits is not above 200. */
+    private static void rowsOfDigits(String entries) {
+        String one = "xref\n0 1\n0000000000 65535 f \n";
+        for (String row : new String[] {"300x", "x300", "300.", "+300", "-300", "300n", "999999999999x", "300#"}) {
+            Checks.refuses("MANY " + row, with("xref\n0 " + row + "\n" + entries + ROOT), 3, BEGIN);
+            Checks.refuses("FIRST " + row, with("xref\n" + row + " 0\n0 3\n" + entries + ROOT), 3, BEGIN);
+            Checks.refuses("a later MANY " + row, with(one + "1 " + row + "\n" + ROOT), 3, BEGIN);
+            Checks.refuses("a later FIRST " + row, with(one + row + " 0\n" + ROOT), 3, BEGIN);
+            Checks.refuses("FIRST above 200, MANY " + row, with("xref\n300 " + row + "\n" + entries + ROOT), 3, BEGIN);
+        }
+        Checks.refuses("FIRST alone", with("xref\n300\n" + ROOT), 3, BEGIN);
+        Checks.refuses("a later row above 200", with(one + "1 200\n" + ROOT), 5, BEGIN);
+        Checks.refuses("above 200, a delimiter behind", with("xref\n0 300/\n" + entries + ROOT), 5, BEGIN);
+        Checks.refuses("above 200, a remark behind", with("xref\n0 300%\n" + entries + ROOT), 5, BEGIN);
+        Checks.refuses("a delimiter behind FIRST", with("xref\n300/0\n" + entries + ROOT), 3, BEGIN);
+        Checks.refuses("digits ahead of trailer", with("xref\n0 3\n" + entries + "1" + ROOT), 3, BEGIN);
+        Checks.refuses("MANY and trailer in one row", with("xref\n0 3\n" + entries + "3 0" + ROOT), 3, BEGIN);
     }
 
     private static void trailers() {
