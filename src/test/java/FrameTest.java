@@ -11,6 +11,23 @@ public final class FrameTest {
         rowStreamsWrong();
         rowPairs();
         aFaultEndsTheDocument();
+        headBytes();
+        startBytes();
+        cutShort();
+        beginnings();
+        tableBytes();
+        entryBytes();
+        entryEnds();
+        tableNumbers();
+        trailerWords();
+        trailerOrder();
+        trailersOfElders();
+        rowHeads();
+        rowWidths();
+        rowIndexes();
+        rowKinds();
+        rowSizes();
+        rowOrder();
         Checks.end();
     }
 
@@ -309,5 +326,383 @@ public final class FrameTest {
         Checks.due("count(6)", x.count(6), 0);
         Checks.due("count(7)", x.count(7), -1);
         Checks.due("count(-1)", x.count(-1), -1);
+    }
+
+    private static final String GOOD = Files.empty().table("/Root 1 0 R");
+    private static final String WHITE = "\0\t\n\f\r ";
+
+    private static void headBytes() {
+        for (int i = 0; i < 7; i++) {
+            for (char c : new char[] {(char) (GOOD.charAt(i) + 1), (char) (GOOD.charAt(i) - 1), '\0', '\u00ff'}) {
+                Checks.refuses("head byte " + i, GOOD.substring(0, i) + c + GOOD.substring(i + 1), 1, i);
+            }
+            Checks.refuses("a head of " + i, GOOD.substring(0, i), 1, i);
+        }
+        for (int c = 0; c < 256; c++) {
+            String file = GOOD.substring(0, 7) + (char) c + GOOD.substring(8);
+            if (c >= '0' && c <= '7') {
+                Checks.loads("version " + c, file, 0);
+            } else {
+                Checks.refuses("version " + c, file, 1, 7);
+            }
+        }
+        Checks.refuses("white ahead of the head", " " + GOOD, 1, 0);
+    }
+
+    /** Each byte ahead of, within and behind what must stand behind startxref. */
+    private static void startBytes() {
+        int digitsAt = GOOD.lastIndexOf("startxref") + 10;
+        int end = GOOD.lastIndexOf("%%EOF");
+        String digits = GOOD.substring(digitsAt, end - 1);
+        String head = GOOD.substring(0, digitsAt - 1);
+        for (int c = 0; c < 256; c++) {
+            boolean white = WHITE.indexOf(c) >= 0;
+            boolean digit = c >= '0' && c <= '9';
+            started("one byte behind startxref", head + (char) c + digits + " %%EOF", white, digitsAt - 1);
+            started("behind the digits", head + " " + digits + (char) c + "%%EOF", white, end - (digit ? 0 : 1));
+            started("two bytes behind the digits", head + " " + digits + " " + (char) c + "%%EOF", white, c == '%' ? end + 2 : end);
+            started("behind the end", head + " " + digits + " %%EOF" + (char) c, white, end + 5);
+            started("two bytes behind the end", head + " " + digits + " %%EOF\n" + (char) c, white, end + 6);
+            if (!digit) {
+                started("two bytes behind startxref", head + " " + (char) c + digits + " %%EOF", white, digitsAt);
+            }
+        }
+        for (int i = 0; i < 5; i++) {
+            Checks.refuses("end byte " + i, GOOD.substring(0, end + i) + "x" + GOOD.substring(end + i + 1), 2, end + i);
+        }
+        Checks.refuses("no digits", head + "\n\n%%EOF", 2, digitsAt + 1);
+        Checks.refuses("digits and a sign", head + "\n" + digits + "+ %%EOF", 2, end - 1);
+        Checks.refuses("far beyond a whole", head + "\n99999999999999999999999 %%EOF", 2, digitsAt);
+        Checks.refuses("beyond a whole, zeros ahead", head + "\n0002147483648 %%EOF", 2, digitsAt);
+        Checks.refuses("the last one counts", GOOD + "startxref", 2, GOOD.length() + 9);
+        Checks.refuses("within a row, too", GOOD + "xstartxrefx", 2, GOOD.length() + 10);
+    }
+
+    private static void started(String what, String file, boolean good, int place) {
+        if (good) {
+            Checks.loads(what, file, 0);
+        } else {
+            Checks.refuses(what, file, 2, place);
+        }
+    }
+
+    /** A file that ends too early is wrong at its end. */
+    private static void cutShort() {
+        int end = GOOD.lastIndexOf("%%EOF") + 5;
+        for (int length = 8; length <= GOOD.length(); length++) {
+            started("a file of " + length, GOOD.substring(0, length), length >= end, length);
+        }
+        String full = GOOD + Files.repeat(" ", 8000 - GOOD.length());
+        Checks.loads("a file of 8000", full, 0);
+        Checks.refuses("another of 8000", full.substring(0, 7999) + "x", 2, 7999);
+    }
+
+    private static void beginnings() {
+        String file = startingAt("0000000000");
+        for (int more = -1; more <= 1; more++) {
+            String other = startingAt(String.format("%010d", file.length() + more));
+            Checks.refuses("a beginning at the end and " + more, other, 3, file.length() + Math.min(0, more));
+        }
+        Checks.loads("zeros ahead of a good one", startingAt(String.format("%010d", BEGIN)), 0);
+        Checks.refuses("one byte behind", startingAt(String.format("%010d", BEGIN + 1)), 3, BEGIN + 1);
+    }
+
+    private static String startingAt(String digits) {
+        Files files = Files.empty();
+        files.section("/Size 3 /Root 1 0 R");
+        return files.end(0).replace("startxref\n0\n", "startxref\n" + digits + "\n");
+    }
+
+    private static final String ENTRIES = "0000000000 65535 f \nAAAA 00000 n \nBBBB 00000 n \n";
+
+    /** Each byte behind xref, behind FIRST, behind MANY and behind the blank there. */
+    private static void tableBytes() {
+        for (int c = 0; c < 256; c++) {
+            boolean white = WHITE.indexOf(c) >= 0;
+            boolean digit = c >= '0' && c <= '9';
+            tabled("behind xref " + c, "xref" + (char) c + "0 3\n", white, BEGIN);
+            tabled("behind FIRST " + c, "xref\n0" + (char) c + "3\n", white, BEGIN);
+            tabled("ahead of FIRST " + c, "xref\n" + (char) c + "0 3\n", white || c == '0', BEGIN);
+            tabled("behind MANY " + c, "xref\n0 3" + (char) c + "\n", c == 32 || c == 13, digit ? BEGIN + 70 : c == 10 ? BEGIN + 9 : BEGIN);
+            tabled("behind the blank " + c, "xref\n0 3 " + (char) c + "\n", c == 13, c == 10 ? BEGIN + 10 : BEGIN);
+        }
+        Checks.loads("a blank and CR", with("xref\n0 3 \r" + ENTRIES + ROOT), 0);
+        Checks.refuses("no EOL", with("xref\n0 3 " + ENTRIES + ROOT), 3, BEGIN);
+        Checks.refuses("LF CR", with("xref\n0 3\n\r" + ENTRIES + ROOT), 3, BEGIN + 9);
+    }
+
+    private static void tabled(String what, String head, boolean good, int place) {
+        String file = with(head + ENTRIES + ROOT);
+        if (good) {
+            Checks.loads(what, file, 0);
+        } else {
+            Checks.refuses(what, file, 3, place);
+        }
+    }
+
+    /** Each byte of an entry that may not be so: the fault is at the entry's beginning. */
+    private static void entryBytes() {
+        String entry = String.format("%010d 00000 n \n", PLAIN.placeOf(2));
+        int place = BEGIN + 9 + 40;
+        for (int i = 0; i < 18; i++) {
+            boolean blank = i == 10 || i == 16;
+            String wrong = blank ? "\t\r\n0.x\0%" : i == 17 ? "NFemog \0" : "/: +-.a\n";
+            for (char c : wrong.toCharArray()) {
+                Checks.refuses("byte " + i + " of an entry is " + (int) c, with("xref\n0 3\n" + ENTRIES.substring(0, 20)
+                        + "AAAA 00000 n \n" + entry.substring(0, i) + c + entry.substring(i + 1) + ROOT), 3, place);
+            }
+        }
+        Checks.refuses("the first one that is wrong", with("xref\n0 3\n" + ENTRIES.replace(" n ", " N ") + ROOT), 3, BEGIN + 29);
+        Checks.refuses("an entry too few", with("xref\n0 4\n" + ENTRIES + ROOT), 3, BEGIN + 69);
+        Checks.refuses("an entry too many", with("xref\n0 2\n" + ENTRIES + ROOT), 3, BEGIN);
+        Checks.refuses("a later row's entry", with("xref\n0 3\n" + ENTRIES + "5 1\n0000000000 00000 x \n" + ROOT), 3, BEGIN + 73);
+    }
+
+    private static void entryEnds() {
+        char[] bytes = {0, 9, 10, 12, 13, 32, 'x', '0'};
+        for (char one : bytes) {
+            for (char two : bytes) {
+                boolean good = one == 32 && (two == 13 || two == 10) || one == 13 && two == 10;
+                String file = with("xref\n0 3\n" + ENTRIES.substring(0, 20) + "AAAA 00000 n" + one + two + "BBBB 00000 n \n" + ROOT);
+                if (good) {
+                    Checks.loads("an entry's end " + (int) one + " " + (int) two, file, 0);
+                } else {
+                    Checks.refuses("an entry's end " + (int) one + " " + (int) two, file, 3, BEGIN + 29);
+                }
+            }
+        }
+    }
+
+    /** FIRST and MANY at their edges; numbers in entries of both kinds are below Size. */
+    private static void tableNumbers() {
+        String start = "xref\n0 3\n" + ENTRIES;
+        String free = "0000000000 00000 f \n";
+        Checks.loads("200 and none", with(start + "200 0\n" + ROOT), 0);
+        Checks.refuses("201 and none", with(start + "201 0\n" + ROOT), 5, BEGIN);
+        Checks.refuses("0 and 201", with("xref\n0 201\n" + ENTRIES + ROOT), 5, BEGIN);
+        Checks.refuses("199 and 2", with(start + "199 2\n" + free + free + ROOT), 5, BEGIN);
+        Checks.refuses("none and beyond all", with(start + "0 99999999999999999999999\n" + ROOT), 5, BEGIN);
+        Checks.refuses("both beyond all", with(start + "4294967296 4294967296\n" + ROOT), 5, BEGIN);
+        String all = "xref\n0 200\n" + ENTRIES + Files.repeat(free, 197);
+        PaperHouse x = Checks.loads("all 200", with(all + ROOT.replace("Size 3", "Size 200")), 0);
+        Checks.due("all 200: Size", x.count(0), 200);
+        Checks.due("all 200: objects", x.objects(), 2);
+        Checks.refuses("all 200 and Size 199", with(all + ROOT.replace("Size 3", "Size 199")), 3, BEGIN);
+        Checks.loads("199 and 1", with(start + "199 1\n" + free + ROOT.replace("Size 3", "Size 200")), 0);
+        Checks.refuses("a free one of Size", with(start + "3 1\n" + free + ROOT), 3, BEGIN);
+        Checks.loads("a free one below Size", with(start + "3 1\n" + free + ROOT.replace("Size 3", "Size 4")), 0);
+        Checks.refuses("Root's object is free", with(start.replace("AAAA 00000 n", "AAAA 00000 f") + ROOT), 10, 0);
+        Checks.refuses("free first", with("xref\n1 1\n" + free + "0 3\n" + ENTRIES + ROOT), 10, 0);
+        Checks.refuses("a place of ten digits", with(start + "3 1\n9999999999 00000 n \n" + ROOT.replace("Size 3", "Size 4")), 6,
+                with(start + "3 1\n9999999999 00000 n \n" + ROOT).length());
+    }
+
+    private static void trailerWords() {
+        String start = "xref\n0 3\n" + ENTRIES;
+        Checks.loads("a delimiter behind trailer", with(start + "trailer<</Size 3/Root 1 0 R>>"), 0);
+        for (String word : new String[] {"trailerx", "Trailer", "traile", "trailer1", "t"}) {
+            Checks.refuses("the word " + word, with(start + word + " << /Size 3 /Root 1 0 R >>\n"), 3, BEGIN);
+        }
+        for (String other : new String[] {"[ ]", "/A", "(a)", "5", "1 0 R", "null", "true", "1.5"}) {
+            Checks.refuses("trailer " + other, with(start + "trailer " + other + " "), 3, BEGIN);
+        }
+        Checks.refuses("a trailer's token", with(start + "trailer << /A ] >>"), 4, BEGIN + 69 + 14);
+        Checks.refuses("a trailer's limit", with(start + "trailer << /A 99999999999 >>"), 5, BEGIN + 69 + 14);
+        Checks.refuses("a trailer's 21st", with(start + "trailer << /A " + Files.repeat("[", 20) + " >>"), 5, BEGIN + 69 + 14 + 19);
+        Checks.loads("what stands behind the trailer is free", with(start + ROOT + ") x << "), 0);
+    }
+
+    private static void trailerOrder() {
+        String head = "xref\n0 3\n" + ENTRIES + "trailer << /Root 1 0 R ";
+        String[][] told = {
+            {"/Size 3 /Encrypt 5", "9"}, {"/Size 3 /XRefStm 5", "9"}, {"/Size 3 /XRefStm null", "9"}, {"/Size 3 /Encrypt 7 0 R", "9"},
+            {"/Size 0 /Encrypt 5", "9"}, {"/Size 201 /XRefStm 5", "9"}, {"/Encrypt 5", "9"}, {"/Prev -1 /Size 3 /Encrypt 5", "9"},
+            {"/Size 201 /Prev -1", "5"}, {"/Prev (x) /Size 2147483647", "5"}, {"/Size -1", "3"}, {"/Size -201", "3"}, {"/Size 2", "3"},
+            {"/Size (x)", "3"}, {"/Size null", "3"}, {"/Size 3.0", "3"}, {"/Size [ 3 ]", "3"}, {"/Size 2 0 R", "3"},
+            {"/Size 3 /Prev -1", "3"}, {"/Size 3 /Prev 1.0", "3"}, {"/Size 3 /Prev 2 0 R", "3"}, {"/Size 3 /Prev (x)", "3"},
+            {"/Size 3 /Prev " + BEGIN, "3"}};
+        for (String[] one : told) {
+            Checks.refuses("trailer " + one[0], with(head + one[0] + " >>"), Integer.parseInt(one[1]), BEGIN);
+        }
+        String far = with(head + "/Size 3 /Prev 2147483647 >>");
+        Checks.refuses("Prev far outside", far, 3, far.length());
+        Checks.loads("Size at its least", with(head + "/Size 3 >>"), 0);
+        Checks.refuses("an entry ahead of Size", with(head.replace("00000 n", "00000 N") + "/Size 201 >>"), 3, BEGIN + 29);
+    }
+
+    /** A file whose newest section is good, and whose elder one has that trailer. */
+    private static void elder(String trailer, int fault) {
+        Files files = Files.empty();
+        int first = files.section(trailer);
+        int second = files.section("/Size 3 /Root 1 0 R /Prev " + first);
+        if (fault == 0) {
+            Checks.due("elder " + trailer + ": Info", Checks.loads("elder " + trailer, files.end(second), 0).count(2), 0);
+        } else {
+            Checks.refuses("elder " + trailer, files.end(second), fault, first);
+        }
+    }
+
+    private static void trailersOfElders() {
+        elder("/Size 3", 0);
+        elder("/Size 3 /Root 9 0 R /Info 1 0 R", 0);
+        elder("/Size 3 /Encrypt 1", 9);
+        elder("/Size 3 /XRefStm 1", 9);
+        elder("/Size 201", 5);
+        elder("/Size 2", 3);
+        elder("/Size 3 /Prev -1", 3);
+        elder("/Size 3 /Prev " + BEGIN, 3);
+        Files ring = Files.empty();
+        int first = ring.section("/Size 3 /Prev 0000000000");
+        int second = ring.section("/Size 3 /Root 1 0 R /Prev " + first);
+        String file = ring.end(second).replace("/Prev 0000000000", String.format("/Prev %010d", second));
+        Checks.refuses("a ring of sections", file, 3, second);
+        Files of = Files.empty();
+        first = of.section("/Size 3 /A )");
+        second = of.section("/Size 3 /Root 1 0 R /Prev " + first);
+        String wrong = of.end(second);
+        Checks.refuses("an elder's token", wrong, 4, wrong.indexOf(")"));
+        Files table = Files.empty();
+        int begin = table.length();
+        table.raw("9 0 obj << /Type /XRef /W [ 1 1 1 ] /Size 3 /Length 1 /Filter /FlateDecode >> stream\nx\nendstream endobj ");
+        second = table.section("/Size 3 /Root 1 0 R /Prev " + begin);
+        Checks.refuses("an elder's data", table.end(second), 8, begin);
+    }
+
+    private static final String TAIL = "\nendstream\nendobj\n";
+
+    private static void rowHeads() {
+        for (String head : new String[] {"03 00 obj", "3%x\n0%y\robj", "3\0" + "0\fobj", "% \n\t3 0 obj%"}) {
+            Checks.loads("head " + head, rows(head, TOLD, DATA, TAIL), 0);
+        }
+        for (String head : new String[] {"+3 0 obj", "3 +0 obj", "-3 0 obj", "3 -0 obj", "3.0 0 obj", "3 0 objx", "3 0 Obj", "3 obj", "x",
+            "200 0 obj", "0 0 obj", "99999999999 0 obj", "3 1 obj", "3 99999999999 obj", "3 0", "(3) 0 obj", " xref"}) {
+            Checks.refuses("head " + head, rows(head, TOLD, DATA, TAIL), 3, BEGIN);
+        }
+        for (String tail : new String[] {"endstream endobj ", "\r\nendstream%x\nendobj/", "\rendstream\0endobj ", " \n\n %\nendstream endobj<"}) {
+            Checks.loads("tail " + tail, rows("3 0 obj", TOLD, DATA, tail), 0);
+        }
+        for (String tail : new String[] {"\nendstreamx endobj ", "\nendstream endobjx ", "\nendstream ", "\nx endstream endobj ", ""}) {
+            Checks.refuses("tail " + tail, rows("3 0 obj", TOLD, DATA, tail), 3, BEGIN);
+        }
+        String good = rows(TOLD, DATA);
+        for (String length : new String[] {"15", "17", "-1", "16.0", "(16)", "4 0 R", "2147483647", "null"}) {
+            Checks.refuses("Length " + length, good.replace("/Length 16", "/Length " + length), 3, BEGIN);
+        }
+        Checks.refuses("no Length", good.replace("/Length 16", "/Lengtk 16"), 3, BEGIN);
+        Checks.refuses("CR behind stream", good.replace("stream\n" + row(0, 0, 255), "stream\r" + row(0, 0, 255)), 3, BEGIN);
+        Checks.loads("CR LF behind stream", good.replace("stream\n" + row(0, 0, 255), "stream\r\n" + row(0, 0, 255)), 0);
+        Checks.refuses("no stream", rows("3 0 obj", TOLD + " /A 1 >> endobj <<", DATA, TAIL), 3, BEGIN);
+        int at = good.indexOf("<<", BEGIN);
+        Checks.refuses("no dict", good.substring(0, at) + "[ ]" + good.substring(good.indexOf(">>", at) + 2), 3, BEGIN);
+        Checks.refuses("no object", good.substring(0, at) + "] " + good.substring(at), 4, at);
+        Checks.refuses("Type a reference", rows(TOLD.replace("/XRef", "4 0 R"), DATA), 3, BEGIN);
+        Checks.refuses("Type a string", rows(TOLD.replace("/XRef", "(XRef)"), DATA), 3, BEGIN);
+        Checks.refuses("no Type", rows(TOLD.replace("/Type", "/Tipe"), DATA), 3, BEGIN);
+    }
+
+    private static void rowWidths() {
+        for (String w : new String[] {"[ 1 2 ]", "[ 1 2 1 0 ]", "[ -1 2 1 ]", "[ 1 -1 1 ]", "[ 1 2 -1 ]", "[ 5 2 1 ]", "[ 1 5 1 ]", "[ 1 2 5 ]",
+            "[ 1.0 2 1 ]", "[ 1 2 4 0 R ]", "[ 1 2 /A ]", "[ ]", "<< /A 1 /B 2 /C 1 >>", "1", "null", "4 0 R"}) {
+            Checks.refuses("W " + w, rows(TOLD.replace("[ 1 2 1 ]", w), DATA), 3, BEGIN);
+        }
+        for (int kind = 0; kind <= 4; kind++) {
+            for (int second = 2; second <= 4; second++) {
+                for (int third = 0; third <= 4; third++) {
+                    StringBuilder data = new StringBuilder();
+                    for (int n = 1; n <= 2; n++) {
+                        data.append(number(1, kind)).append(number(PLAIN.placeOf(n), second)).append(number(0, third));
+                    }
+                    Checks.loads("W " + kind + " " + second + " " + third, rows("/Type /XRef /W [ " + kind + " " + second + " " + third
+                            + " ] /Index [ 1 2 ] /Size 3 /Root 1 0 R", data.toString()), 0);
+                }
+            }
+        }
+        Checks.refuses("entries of no bytes", rows("/Type /XRef /W [ 0 0 0 ] /Index [ 2 1 ] /Size 3 /Root 1 0 R", ""), 6, 0);
+        Checks.refuses("entries of no bytes, a byte left", rows("/Type /XRef /W [ 0 0 0 ] /Index [ 2 1 ] /Size 3", "x"), 3, BEGIN);
+    }
+
+    private static String number(long value, int bytes) {
+        StringBuilder all = new StringBuilder();
+        for (int i = bytes - 1; i >= 0; i--) {
+            all.append((char) (value >> 8 * i & 255));
+        }
+        return all.toString();
+    }
+
+    private static void rowIndexes() {
+        for (String index : new String[] {"[ 0 ]", "[ 0 4 0 ]", "[ 0 -4 ]", "[ -1 5 ]", "[ 0 4.0 ]", "[ 0.0 4 ]", "[ 0 4 0 R ]", "[ 0 (4) ]",
+            "[ 0 4 5 /A ]", "[ 0 4 -1 0 ]", "[ 0 4 0 -1 ]", "[ ]", "<< /A 0 /B 4 >>", "4", "null", "4 0 R", "(x)"}) {
+            Checks.refuses("Index " + index, rows(TOLD + " /Index " + index, DATA), 3, BEGIN);
+        }
+        for (String index : new String[] {"[ 0 4 ]", "[ 0 1 1 1 2 1 3 1 ]", "[ 0 4 200 0 0 0 ]", "[ 200 0 0 4 ]"}) {
+            Checks.loads("Index " + index, rows(TOLD + " /Index " + index, DATA), 0);
+        }
+        for (String index : new String[] {"[ 201 0 ]", "[ 0 201 ]", "[ 200 1 ]", "[ 1 200 ]", "[ 2147483647 0 ]", "[ 0 2147483647 ]",
+            "[ 2147483647 2147483647 ]", "[ 0 4 201 0 ]", "[ 0 4 0 201 ]", "[ 0 3 200 1 ]"}) {
+            Checks.refuses("Index " + index, rows(TOLD + " /Index " + index, DATA), 5, BEGIN);
+        }
+        // A pair's entries ahead of it are wrong, or the array is, as a whole.
+        Checks.refuses("a kind ahead of a limit", rows(TOLD + " /Index [ 0 4 201 0 ]", DATA.replace(row(0, 0, 255), row(3, 0, 0))), 3, BEGIN);
+        Checks.refuses("bytes lacking ahead of a limit", rows(TOLD + " /Index [ 0 5 201 0 ]", DATA), 3, BEGIN);
+        Checks.refuses("a limit ahead of a kind", rows(TOLD + " /Index [ 0 3 201 0 3 1 ]", DATA.replace(row(1, BEGIN, 0), row(3, 0, 0))), 5, BEGIN);
+        Checks.refuses("an array ahead of a limit", rows(TOLD + " /Index [ 201 0 0 (4) ]", DATA), 3, BEGIN);
+        Checks.refuses("an odd array ahead of a limit", rows(TOLD + " /Index [ 201 0 0 ]", DATA), 3, BEGIN);
+    }
+
+    private static void rowKinds() {
+        for (int kind = 3; kind < 256; kind++) {
+            Checks.refuses("kind " + kind, rows(TOLD, DATA.replace(row(0, 0, 255), row(kind, 0, 0))), 3, BEGIN);
+        }
+        String three = "/Type /XRef /W [ 4 4 4 ] /Index [ 1 3 ] /Size 4 /Root 1 0 R";
+        String two = number(1, 4) + number(PLAIN.placeOf(1), 4) + number(0, 4) + number(1, 4) + number(PLAIN.placeOf(2), 4) + number(0, 4);
+        for (long kind : new long[] {3, 256, 257, 65537, 16777217, 2147483649L, 4294967295L}) {
+            Checks.refuses("a long kind " + kind, rows(three, two + number(kind, 4) + number(0, 8)), 3, BEGIN);
+        }
+        Checks.loads("a free one of any numbers", rows(three, two + number(0, 4) + number(-1, 8)), 0);
+        for (long place : new long[] {2147483647L, 2147483648L, 4294967295L}) {
+            String file = rows(three, two + number(1, 4) + number(place, 4) + number(0, 4));
+            Checks.refuses("at " + place, file, 6, file.length());
+            Checks.refuses("in " + place, rows(three, two + number(2, 4) + number(place, 4) + number(0, 4)), 6, file.length());
+            Checks.refuses("of generation " + place, rows(three, two + number(1, 4) + number(BEGIN, 4) + number(place, 4)), 6, BEGIN);
+        }
+    }
+
+    /** Without Index Size tells how many; it must be a whole below 201 there already. */
+    private static void rowSizes() {
+        for (String size : new String[] {"0", "-1", "3", "5", "200", "4.0", "(4)", "4 0 R", "null"}) {
+            Checks.refuses("Size " + size, rows(TOLD.replace("Size 4", "Size " + size), DATA), 3, BEGIN);
+        }
+        Checks.refuses("Size 0 of nothing", rows(TOLD.replace("Size 4", "Size 0"), ""), 3, BEGIN);
+        for (String size : new String[] {"201", "2147483647"}) {
+            Checks.refuses("Size " + size, rows(TOLD.replace("Size 4", "Size " + size), DATA), 5, BEGIN);
+        }
+        Checks.loads("Size above", rows(TOLD.replace("Size 4", "Size 200") + " /Index [ 0 4 ]", DATA), 0);
+        Checks.refuses("Size above 200 with Index", rows(TOLD.replace("Size 4", "Size 201") + " /Index [ 0 4 ]", DATA), 5, BEGIN);
+        Checks.refuses("a free one of Size", rows(TOLD.replace("Size 4", "Size 3") + " /Index [ 1 2 3 1 ]",
+                DATA.substring(4, 12) + row(0, 0, 0)), 3, BEGIN);
+    }
+
+    /** What is looked at when: the object, its Type and Length, decoding, W, Index, entries, the trailer. */
+    private static void rowOrder() {
+        String bad = TOLD.replace("[ 1 2 1 ]", "[ 1 ]") + " /Index 5 /Encrypt 1";
+        Checks.refuses("7 ahead of W and Index", rows(bad + " /Filter 5", DATA), 7, BEGIN);
+        Checks.refuses("8 ahead of W and Index", rows(bad + " /Filter /FlateDecode", DATA), 8, BEGIN);
+        Checks.refuses("W ahead of Encrypt", rows(bad, DATA), 3, BEGIN);
+        Checks.refuses("Size without Index ahead of Encrypt", rows(TOLD.replace("/Size 4", "/Encrypt 1"), DATA), 3, BEGIN);
+        Checks.refuses("the entries ahead of Encrypt", rows(TOLD + " /Encrypt 1", DATA.replace(row(0, 0, 255), row(3, 0, 0))), 3, BEGIN);
+        Checks.refuses("Encrypt ahead of Size", rows(TOLD.replace("Size 4", "Size 2") + " /Index [ 0 4 ] /Encrypt 1", DATA), 9, BEGIN);
+        Checks.refuses("XRefStm ahead of Prev", rows(TOLD + " /Prev -1 /XRefStm null", DATA), 9, BEGIN);
+        Checks.refuses("Prev", rows(TOLD + " /Prev -1", DATA), 3, BEGIN);
+        Checks.refuses("Prev of itself", rows(TOLD + " /Prev " + BEGIN, DATA), 3, BEGIN);
+        Checks.refuses("Prev elsewhere", rows(TOLD + " /Prev 9", DATA), 3, 9);
+        Checks.refuses("endobj ahead of 7", rows("3 0 obj", TOLD + " /Filter 5", DATA, "\nendstream endob "), 3, BEGIN);
+        String unpredicted = Files.deflated("\2" + row(0, 0, 255) + "\2" + row(1, 0, 1));
+        Checks.refuses("7 of a predictor", rows(TOLD + " /Filter /FlateDecode /DecodeParms << /Predictor 9 >>", unpredicted), 7, BEGIN);
+        StringBuilder up = new StringBuilder();
+        for (int i = 0; i < 16; i++) {
+            up.append(i % 4 == 0 ? "\2" : "").append((char) (DATA.charAt(i) - (i < 4 ? 0 : DATA.charAt(i - 4)) & 255));
+        }
+        Checks.loads("rows of a predictor", rows(TOLD + " /Filter /FlateDecode /DecodeParms << /Predictor 12 /Columns 4 >>",
+                Files.deflated(up.toString())), 0);
     }
 }

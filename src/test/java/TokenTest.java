@@ -15,6 +15,21 @@ public final class TokenTest {
         limits();
         theCursor();
         manyObjects();
+        whiteAndDelimiters();
+        bytesOfNames();
+        bytesOfStrings();
+        escapes();
+        edgesOfNumbers();
+        edgesOfTexts();
+        edgesOfReferences();
+        edgesOfEntries();
+        manyEntries();
+        theEndOfTheFile();
+        whatIsHere();
+        depthOfTheCursor();
+        nowhere();
+        theLastObject();
+        twiceCounted();
         Checks.end();
     }
 
@@ -290,31 +305,378 @@ public final class TokenTest {
     /** A catalog of 5, a tree of 7, a row stream's 14, two object streams' 11 each, and two arrays of wholes. */
     private static void manyObjects() {
         for (int more = 0; more <= 2; more++) {
-            Files files = Files.empty();
-            int second = 6000 - 5 - 7 - 14 - 11 - 11 - 1 - 3000 - 1 - 1 + more;
-            inside(files, 5, "4 0 [" + Files.repeat("0 ", 3000) + "]");
-            inside(files, 7, "6 0 [" + Files.repeat("0 ", second) + "]");
-            int begin = files.length();
-            int[] places = {0, files.placeOf(1), files.placeOf(2), 0, 5, files.placeOf(5), 7, files.placeOf(7)};
-            StringBuilder rows = new StringBuilder();
-            for (int n = 0; n < places.length; n++) {
-                int kind = places[n] == 0 ? 0 : n == 4 || n == 6 ? 2 : 1;
-                rows.append((char) kind).append((char) (places[n] >> 8)).append((char) (places[n] & 255)).append((char) 0);
-            }
-            files.raw("9 0 obj << /Type /XRef /Size 8 /W [ 1 2 1 ] /Root 1 0 R /Length 32 >> stream\n" + rows
-                    + "\nendstream endobj ");
+            String zeros = Files.repeat("0 ", ROOM - 1 + more);
             if (more <= 1) {
-                PaperHouse x = Checks.loads("5999 and " + more, files.end(begin), 0);
+                PaperHouse x = Checks.loads("5999 and " + more, filled("6 0 [" + zeros + "]", 0), 0);
                 x.go(6);
-                Checks.due("parts of the second", x.here(2), second);
-                Checks.due("the last is there", x.down(second - 1), 2);
+                Checks.due("parts of the second", x.here(2), ROOM - 1 + more);
+                Checks.due("the last is there", x.down(ROOM - 2 + more), 2);
             } else {
-                Checks.refuses("6001", files.end(begin), 5, 5 + 2 * (second - 1));
+                Checks.refuses("6001", filled("6 0 [" + zeros + "]", 0), 5, 5 + 2 * ROOM);
             }
         }
     }
 
+    // How many objects more can be read behind the beginning of the array that fills a file.
+    private static final int ROOM = 6000 - 5 - 7 - 14 - 11 - 11 - 1 - 3000 - 1;
+
+    /** A file whose object 6, read last, stands in an object stream; own: how many rows tell of the row stream. */
+    private static String filled(String sixth, int own) {
+        Files files = Files.empty();
+        inside(files, 5, "4 0 [" + Files.repeat("0 ", 3000) + "]");
+        inside(files, 7, sixth);
+        int begin = files.length();
+        int[] places = {0, files.placeOf(1), files.placeOf(2), 0, 5, files.placeOf(5), 7, files.placeOf(7), begin};
+        StringBuilder rows = new StringBuilder();
+        for (int n = 0; n < 8 + own; n++) {
+            int kind = places[n] == 0 ? 0 : n == 4 || n == 6 ? 2 : 1;
+            rows.append((char) kind).append((char) (places[n] >> 8)).append((char) (places[n] & 255)).append((char) 0);
+        }
+        files.raw("8 0 obj << /Type /XRef /Size " + (8 + own) + " /W [ 1 2 1 ] /Root 1 0 R /Length " + rows.length() + " >> stream\n"
+                + rows + "\nendstream endobj ");
+        return files.end(begin);
+    }
+
     private static void inside(Files files, int n, String data) {
         files.stream(n, "/Type /ObjStm /N 1 /First 4 /Filter /FlateDecode", Files.deflated(data));
+    }
+
+    /** What begins where only so many objects more can be read; the fault is so far behind its beginning. */
+    private static void last(String body, int room, int fault, int behind) {
+        String ahead = "6 0 [" + Files.repeat("0 ", ROOM - room);
+        String what = body + " with room for " + room;
+        if (fault == 0) {
+            Checks.loads(what, filled(ahead + body + "]", 0), 0);
+        } else {
+            Checks.refuses(what, filled(ahead + body + "]", 0), fault, ahead.length() + behind);
+        }
+    }
+
+    /** Each object counts, and each name of an entry; an array, a dict as it begins, a reference is one. */
+    private static void theLastObject() {
+        for (String body : new String[] {"7", "-7.5", "null", "true", "false", "/A", "(s)", "<41>", "1 0 R"}) {
+            last(body, 0, 5, 0);
+            last(body, 1, 0, 0);
+        }
+        last("[ 7 ]", 0, 5, 0);
+        last("[ 7 ]", 1, 5, 2);
+        last("[ 7 ]", 2, 0, 0);
+        last("<< /A 7 >>", 0, 5, 0);
+        last("<< /A 7 >>", 1, 5, 3);
+        last("<< /A 7 >>", 2, 5, 6);
+        last("<< /A 7 >>", 3, 0, 0);
+        last("[ ] << >>", 2, 0, 0);
+        last("[ ] << >>", 1, 5, 4);
+        last("1 0 R 2 0 R", 1, 5, 6);
+        // Of one token what is no token goes ahead of what is beyond.
+        for (String body : new String[] {")", "x", "/A#0", "<4g>", "(", "{"}) {
+            last(body, 0, 4, 0);
+        }
+    }
+
+    /** A row stream that is an object, too, counts twice; it is read last here, and a whole is its last object. */
+    private static void twiceCounted() {
+        String sixth = "6 0 [" + Files.repeat("0 ", ROOM - 14);
+        Checks.loads("a row stream counted twice", filled(sixth + "]", 1), 0);
+        String file = filled(sixth + "0 ]", 1);
+        Checks.refuses("one more", file, 5, file.lastIndexOf("/Length 36") + 8);
+    }
+
+    /** Each of the 256 bytes between two digits in an array. */
+    private static void whiteAndDelimiters() {
+        for (int c = 0; c < 256; c++) {
+            String body = "[1" + (char) c + "1]";
+            if ("\0\t\n\f\r ".indexOf(c) >= 0) {
+                Checks.due("white " + c, at(body).here(2), 2);
+            } else if (c >= '0' && c <= '9' || c == '.' || c == '/') {
+                Checks.due("row " + c, at(body).here(2), c == '/' ? 2 : 1);
+            } else if (c == '[') {
+                wrong(body, 4, 6);
+            } else if (c == '%') {
+                wrong(body, 4, 6);
+            } else if (c == ']') {
+                Checks.refuses("array " + c, file(body), 6, Files.empty().length());
+            } else {
+                wrong(body, 4, "()<>{}".indexOf(c) >= 0 ? 2 : 1);
+            }
+        }
+        for (int c = 0; c < 256; c++) {
+            boolean ends = c == 10 || c == 13;
+            String body = "[7%(>" + (char) c + (ends ? "" : "[ x\r") + "8]";
+            Checks.due("remark with " + c, at(body).here(2), 2);
+        }
+        for (String ahead : new String[] {"(x)", "<41>", "[]", "<<>>", "/A", "1", "-1.5", "null", "1 0 R"}) {
+            for (String behind : new String[] {"(x)", "<41>", "[]", "<<>>", "/A", "%x\n", " "}) {
+                int parts = behind.equals("%x\n") || behind.equals(" ") ? 1 : 2;
+                Checks.due(ahead + behind, at("[" + ahead + behind + "]").here(2), parts);
+            }
+        }
+    }
+
+    private static void bytesOfNames() {
+        for (int c = 0; c < 256; c++) {
+            boolean regular = "\0\t\n\f\r ()<>[]{}/%#".indexOf(c) < 0;
+            if (regular) {
+                letters("/" + (char) c + "x", 4, (char) c + "x");
+            }
+            if (c > 0) {
+                letters("/x" + String.format(c % 2 == 0 ? "#%02x" : "#%02X", c) + "y", 4, "x" + (char) c + "y");
+            }
+        }
+        wrong("/x#00y", 4, 0);
+        wrong("/x#y1", 4, 0);
+        wrong("/x#1y", 4, 0);
+        wrong("/x#1", 4, 0);
+        wrong("/x#1(y)", 4, 0);
+        wrong("/x# 41", 4, 0);
+        wrong("/x#G1", 4, 0);
+        wrong("/x#/1", 4, 0);
+        wrong("/x#1:", 4, 0);
+        wrong("/x#1@", 4, 0);
+        wrong("/x#1`", 4, 0);
+        wrong("/x#1g", 4, 0);
+    }
+
+    private static void bytesOfStrings() {
+        for (int c = 0; c < 256; c++) {
+            if ("()\\".indexOf(c) < 0) {
+                letters("(x" + (char) c + "y)", 5, "x" + (c == 13 ? '\n' : (char) c) + "y");
+            }
+            String hex = "<5" + (char) c + "1>";
+            if ("\0\t\n\f\r ".indexOf(c) >= 0) {
+                letters(hex, 5, "Q");
+            } else if (Character.digit(c, 16) >= 0 && c < 128) {
+                letters(hex, 5, "" + (char) (0x50 + Character.digit(c, 16)) + (char) 16);
+            } else if (c != '>') {
+                wrong(hex, 4, 0);
+            }
+        }
+    }
+
+    private static void escapes() {
+        String known = "nrtbf()\\";
+        for (int c = 0; c < 256; c++) {
+            int at = known.indexOf(c);
+            String want = at >= 0 ? "" + "\n\r\t\b\f()\\".charAt(at) : c == 10 || c == 13 ? ""
+                    : c >= '0' && c <= '7' ? "" + (char) (c - '0') : "" + (char) c;
+            letters("(\\" + (char) c + "z)", 5, want + "z");
+        }
+        for (int code = 0; code < 512; code++) {
+            letters(String.format("(\\%03o7)", code), 5, (char) (code & 255) + "7");
+        }
+        letters("(\\18\\778\\7)", 5, "\0018\u003f8\7");
+        letters("(\\400\\377)", 5, "\0\u00ff");
+        letters("(\\\r\n\\\n\r)", 5, "\n");
+        wrong("(\\)", 4, 0);
+        wrong("[ (a\\)) ( ]", 4, 8);
+    }
+
+    private static void edgesOfNumbers() {
+        value("32767.999992", 3, Integer.MAX_VALUE);
+        value("32767.999992370", 3, Integer.MAX_VALUE);
+        wrong("32767.999992371", 5, 0);
+        value("-32768.000007629", 3, Integer.MIN_VALUE);
+        wrong("-32768.000007630", 5, 0);
+        value("-32767.99999", 3, -Integer.MAX_VALUE);
+        value("000000001.", 3, 65536);
+        wrong("0000000001.", 5, 0);
+        value(".999999999", 3, 65536);
+        wrong(".9999999990", 5, 0);
+        wrong("+999999999.999999999", 5, 0);
+        wrong("999999999.", 5, 0);
+        wrong("100000000000000000000000000000.5", 5, 0);
+        wrong(".100000000000000000000000000000", 5, 0);
+        value("+2147483647", 2, Integer.MAX_VALUE);
+        wrong("+2147483648", 5, 0);
+        value("-000000000002147483648", 2, Integer.MIN_VALUE);
+        wrong("-4294967295", 5, 0);
+        wrong("4294967296", 5, 0);
+        wrong("18446744073709551616", 5, 0);
+        for (String word : new String[] {"+-1", "1+", ".1.", "1.-", "-+", "1,5", "0x1", ".+1", "1.5e3", "++", "..", "-.-"}) {
+            wrong(word, 4, 0);
+        }
+    }
+
+    private static void edgesOfTexts() {
+        letters("/" + Files.repeat("a", 59) + "#41", 4, Files.repeat("a", 59) + "A");
+        wrong("/" + Files.repeat("a", 60) + "#41", 5, 0);
+        wrong("/" + Files.repeat("a", 3000), 5, 0);
+        wrong("/" + Files.repeat("a", 60) + "#00", 4, 0);
+        letters("(" + Files.repeat("\\061", 1900) + "(" + Files.repeat("x", 98) + "))", 5,
+                Files.repeat("1", 1900) + "(" + Files.repeat("x", 98) + ")");
+        wrong("(" + Files.repeat("x", 1999) + "())", 5, 0);
+        letters("(" + Files.repeat("x", 1999) + "\\\r\n\r\n)", 5, Files.repeat("x", 1999) + "\n");
+        letters("<" + Files.repeat("78", 1999) + "7>", 5, Files.repeat("x", 1999) + "p");
+        wrong("<" + Files.repeat("78", 2000) + "7>", 5, 0);
+        wrong("(" + Files.repeat("x", 2001), 4, 0);
+        wrong("<" + Files.repeat("78", 2001) + "(", 4, 0);
+        wrong("[ 1 (" + Files.repeat("x", 2001) + ") ]", 5, 4);
+        wrong("[ 1 /" + Files.repeat("x", 61) + " ]", 5, 4);
+    }
+
+    private static void edgesOfReferences() {
+        value("1 0 R", 8, 1);
+        value("199 0 R", 8, 199);
+        wrong("2147483647 0 R", 5, 0);
+        wrong("[ 1 2147483647 R ]", 5, 2);
+        wrong("[ 200 65536 R ]", 5, 2);
+        wrong("<< /A 0 0 R >>", 5, 6);
+        wrong("[ 99999999999 0 R ]", 5, 2);
+        Checks.due("not so far", at("[ 200 65536 ]").here(2), 2);
+        Checks.due("not so far, three", at("[ 0 0 0 0 ]").here(2), 4);
+        wrong("[ 1 0 r ]", 4, 6);
+        wrong("[ 1 0R ]", 4, 4);
+        wrong("[ -1 0 R ]", 4, 7);
+        wrong("[ 1.0 0 R ]", 4, 8);
+        wrong("[ 1 0.0 R ]", 4, 8);
+        wrong("[ 1 0 /A R ]", 4, 9);
+        Checks.due("delimiters behind", at("[1 0 R/A 1 0 R(x)1 0 R]").here(2), 5);
+        value("199 65535%x\nR", 8, 199);
+    }
+
+    private static void edgesOfEntries() {
+        String sixty = Files.repeat("n", 60);
+        Checks.due("a long name", at("<< /" + sixty + " 1 /" + sixty.substring(1) + " 2 >>").here(2), 2);
+        wrong("<< /A 1 /" + sixty + "n 2 >>", 5, 8);
+        wrong("<< /A 1 /" + sixty + "n#0 2 >>", 4, 8);
+        wrong("<< /" + sixty + " 1 /" + sixty + " 2 >>", 5, 67);
+        wrong("<< / 1 / 2 >>", 5, 7);
+        wrong("<< /A 1 /B 2 /C 3 /A 4 >>", 5, 18);
+        wrong("<< /A 1 /B 2 /B >>", 5, 13);
+        wrong("<< /A 1 /B << /C 1 /D 2 /C 3 >> /A 2 >>", 5, 24);
+        Checks.due("lower and upper", at("<< /A 1 /a 2 >>").here(2), 2);
+        for (String key : new String[] {"1", "-1.5", "1 0 R", "true", "null", "x", "(a)", "<41>", "[ ]", "<< >>", "]", ")", "{", ">"}) {
+            wrong("<< " + key + " /A >>", 4, 3);
+        }
+        for (String key : new String[] {"2147483648", "-2147483649", "32768.0", "1.0000000000", "99999999999999999999"}) {
+            wrong("<< " + key + " /A >>", 5, 3);
+        }
+        wrong("<< (" + Files.repeat("x", 2000) + ") /A >>", 4, 3);
+        wrong("<< (" + Files.repeat("x", 2001) + " /A >>", 4, 3);
+        wrong("<< <" + Files.repeat("78", 2000) + "> /A >>", 4, 3);
+        wrong("<< <" + Files.repeat("78", 2001) + "x> /A >>", 4, 3);
+        wrong("<< /A 1 2 >>", 4, 8);
+        wrong("<< /A 1 99999999999 >>", 5, 8);
+        wrong("<< /A 1 ", 4, 9);
+        wrong("<< /A 1 >", 4, 8);
+        wrong("<< /A > >", 4, 6);
+    }
+
+    /** Entries of which many names are alike; the last one is there twice. */
+    private static void manyEntries() {
+        StringBuilder body = new StringBuilder("<< ");
+        for (int i = 0; i < 400; i++) {
+            body.append("/k").append((char) ('a' + i % 20)).append((char) ('a' + i / 20)).append(' ').append(i).append(' ');
+        }
+        PaperHouse x = at(body + ">>");
+        Checks.due("400 entries", x.here(2), 400);
+        for (int i = 0; i < 400; i += 57) {
+            Checks.due("entry " + i, x.down(i), 2);
+            Checks.due("value " + i, x.here(1), i);
+            Checks.due("name " + i, x.letter(1, true), 'a' + i % 20);
+            x.up();
+        }
+        Checks.due("no entry 400", x.down(400), -1);
+        wrong(body + "/kaa 1 >>", 5, body.length());
+        wrong(body + "/ktt 1 >>", 5, body.length());
+        at(body + "/kua 1 >>");
+        // Names whose bytes add up to the same in many ways are not the same.
+        Checks.due("alike", at("<< /AaAa 1 /BBBB 2 /AaBB 3 /BBAa 4 >>").here(2), 4);
+    }
+
+    /** An object behind the trailer, which the file's end cuts short: a remark goes up to the end. */
+    private static void theEndOfTheFile() {
+        String[] bodies = {"", "[ ", "<< ", "<< /A ", "[ 1 0 ", "[ (a) "};
+        for (String body : bodies) {
+            Files files = Files.empty();
+            int begin = files.length();
+            String table = String.format("xref\n1 3\n%010d 00000 n \n%010d 00000 n \nAAAAAAAAAA 00000 n \n"
+                    + "trailer << /Size 4 /Root 1 0 R >>\n", files.placeOf(1), files.placeOf(2));
+            int place = begin + table.length();
+            files.raw(table.replace("AAAAAAAAAA", String.format("%010d", place)) + "3 0 obj " + body + "%");
+            String file = files.end(begin).replace("%startxref\n", "%startxref ").replace("\n%%EOF\n", " %%EOF");
+            Checks.refuses("the end behind " + body, file, 4, file.length());
+        }
+    }
+
+    private static void here(String body, int... want) {
+        PaperHouse x = at(body);
+        for (int what = 0; what < 5; what++) {
+            Checks.due(body + ": here(" + what + ")", x.here(what), want[what]);
+        }
+        Checks.due(body + ": here(5)", x.here(5), -1);
+        Checks.due(body + ": here(-1)", x.here(-1), -1);
+        if (want[0] != 9) {
+            PaperHouse y = at("<< /Key " + body + " >>");
+            Checks.due(body + ": as an entry", y.down(0), want[0]);
+            for (int what = 0; what < 5; what++) {
+                Checks.due(body + ": as an entry here(" + what + ")", y.here(what), what == 4 ? 3 : want[what]);
+            }
+            Checks.due(body + ": key", Files.letters(y, true), "Key");
+            Checks.due(body + ": behind the key", y.letter(3, true), -1);
+            Checks.due(body + ": ahead of the key", y.letter(-1, true), -1);
+            boolean text = want[0] == 4 || want[0] == 5;
+            Checks.due(body + ": letter", y.letter(0, false) >= 0, text);
+            Checks.due(body + ": letter behind", y.letter(want[2], false), -1);
+        }
+        Checks.due(body + ": no key", x.letter(0, true), -1);
+    }
+
+    private static void whatIsHere() {
+        here("null", 0, 0, 0, 0, 0);
+        here("true", 1, 1, 0, 0, 0);
+        here("false", 1, 0, 0, 0, 0);
+        here("-17", 2, -17, 0, 0, 0);
+        here("-1.5", 3, -98304, 0, 0, 0);
+        here("/Abc", 4, 0, 3, 0, 0);
+        here("(ab)", 5, 0, 2, 0, 0);
+        here("[ 1 2 3 ]", 6, 0, 3, 0, 0);
+        here("<< /A 1 /B 2 >>", 7, 0, 2, 0, 0);
+        here("7 12 R", 8, 7, 0, 12, 0);
+        here("<< /A 1 /Length 2 >> stream\nab\nendstream", 9, 0, 2, 0, 0);
+        PaperHouse x = at("[ 1 ]");
+        x.down(0);
+        Checks.due("a part has no key", x.here(4), 0);
+        Checks.due("nor its letters", x.letter(0, true), -1);
+        PaperHouse y = at("<< / (x) >>");
+        y.down(0);
+        Checks.due("an empty key", y.here(4), 0);
+        Checks.due("has no letter", y.letter(0, true), -1);
+        Checks.due("the string has", y.letter(0, false), 'x');
+    }
+
+    private static void depthOfTheCursor() {
+        PaperHouse x = at(Files.repeat("[", 20) + "7" + Files.repeat("]", 20));
+        for (int i = 1; i < 20; i++) {
+            Checks.due("down " + i, x.down(0), 6);
+        }
+        Checks.due("down 20", x.down(0), 2);
+        Checks.due("no further", x.down(0), -1);
+        Checks.due("it stays", x.here(1), 7);
+        for (int i = 19; i >= 0; i--) {
+            Checks.due("up to " + i, x.up(), i);
+        }
+        Checks.due("at the object", x.up(), -1);
+        Checks.due("still there", x.here(0), 6);
+    }
+
+    private static void nowhere() {
+        PaperHouse x = Checks.loads("nowhere", file("[ 1 ]"), 0);
+        for (int i = 0; i < 3; i++) {
+            Checks.due("nowhere: here", x.here(0) + x.here(1) + x.here(2) + x.here(3) + x.here(4), -5);
+            Checks.due("nowhere: down", x.down(0), -1);
+            Checks.due("nowhere: up", x.up(), -1);
+            Checks.due("nowhere: letter", x.letter(0, false), -1);
+            Checks.due("nowhere: key", x.letter(0, true), -1);
+            x.go(3);
+            x.down(0);
+            Checks.due("gone astray", x.go(i == 0 ? 4 : i == 1 ? 0 : -1), -1);
+        }
+        x.go(3);
+        x.down(0);
+        Checks.due("go begins anew", x.go(3), 6);
+        Checks.due("at the object", x.up(), -1);
+        Files.load(x, file("[ 1 ]"));
+        Checks.due("nowhere behind load", x.here(0), -1);
     }
 }
