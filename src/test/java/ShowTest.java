@@ -19,6 +19,25 @@ public final class ShowTest {
         farTexts();
         manyGlyphs();
         theAnswers();
+        doNothings();
+        operatorNames();
+        operandForms();
+        edgesOfOperands();
+        fullOfOperands();
+        objectsAtATime();
+        whatIsNoToken();
+        keptThings();
+        edgesOfOrder();
+        whatGoesAhead();
+        edgesOfFonts();
+        widthsOfFonts();
+        nearest();
+        edgesOfProducts();
+        edgesOfMoves();
+        edgesOfGlyphs();
+        remarksAndWhite();
+        severalStreams();
+        shownAgain();
         Checks.end();
     }
 
@@ -280,5 +299,567 @@ public final class ShowTest {
         y.show(0);
         Files.load(y, Files.empty().table("/Root 1 0 R"));
         Checks.due("no glyphs behind load", y.glyph(0, 0), -1);
+    }
+
+    private static final String SIX = "1 2 3 4 5 6";
+
+    /** Operators that do nothing: with as many numbers as they take, and with one less, one more, another kind. */
+    private static void doNothings() {
+        String[] ops = {"m", "l", "c", "v", "y", "re", "h", "S", "s", "f", "F", "f*", "B", "B*", "b", "b*", "n", "W", "W*",
+            "w", "J", "j", "M", "i", "g", "G", "rg", "RG", "k", "K"};
+        int[] many = {2, 2, 6, 4, 4, 4, 0, 0, 0, 0, 0, 0, 0, 0, 0, 0, 0, 0, 0, 1, 1, 1, 1, 1, 1, 1, 3, 3, 4, 4};
+        for (int i = 0; i < ops.length; i++) {
+            for (int given = 0; given <= 7; given++) {
+                String[] parts = "-1.5 2 +3 .4 5. -32768 32767".split(" ");
+                StringBuilder contents = new StringBuilder();
+                for (int k = 0; k < given; k++) {
+                    contents.append(parts[k]).append(' ');
+                }
+                takes(contents + ops[i], given == many[i]);
+                takes("BT " + contents + ops[i] + " ET", given == many[i]);
+            }
+            for (int at = 0; at < many[i]; at++) {
+                for (String other : new String[] {"/A", "(1)", "<31>", "[ 1 ]", "<< >>", "true", "null", "32768", "-32769", "2147483647"}) {
+                    takes("1 ".repeat(at) + other + " " + "1 ".repeat(many[i] - at - 1) + ops[i], false);
+                }
+            }
+        }
+        String[] texts = {"[ ] 0 d", "[ 1 2 ] -1.5 d", "[ /A (x) [ ] << >> null true ] 0 d"};
+        for (String text : texts) {
+            takes(text, true);
+        }
+        for (String text : new String[] {"d", "[ ] d", "0 d", "0 [ ] d", "[ ] 0 0 d", "[ ] [ ] d", "[ ] /A d", "[ ] 32768 d", "<< >> 0 d", "(x) 0 d", "null 0 d"}) {
+            takes(text, false);
+        }
+    }
+
+    /** Contents of one operator: shown without a glyph, or 11 at the operator. */
+    private static void takes(String contents, boolean good) {
+        if (good) {
+            shows(contents, 0);
+        } else {
+            String bare = contents.endsWith(" ET") && contents.startsWith("BT ") ? contents.substring(0, contents.length() - 3) : contents;
+            wrong(contents, 11, bare.lastIndexOf(' ') + 1);
+        }
+    }
+
+    /** Each word of one byte, and of two: only those that the document tells are operators. */
+    private static void operatorNames() {
+        String known = " q Q cm BT ET Tf Tc Tw TL Td TD Tm T* Tj ' TJ m l c v y re h S s f F f* B B* b b* n W W* w J j M i g G rg RG k K d ";
+        PaperHouse x = house(FONT);
+        String signs = "*'\"abcdefghijklmnopqrstuvwxyzABCDEFGHIJKLMNOPQRSTUVWXYZ0";
+        for (char one : signs.toCharArray()) {
+            for (char two : (" " + signs).toCharArray()) {
+                String word = ("" + one + two).trim();
+                if (word.startsWith("0") && (word.length() == 1 || word.equals("00"))) {
+                    continue;
+                }
+                if (!known.contains(" " + word + " ")) {
+                    Files.load(x, FILE);
+                    Files.contents(x, 0, word);
+                    Checks.due("the word " + word, x.show(0), -111);
+                    Checks.due("its place", x.fault(3), 0);
+                }
+            }
+        }
+        for (String word : new String[] {"Tfx", "xTf", "qq", "BTT", "BMC", "EMC", "BDC", "Do", "gs", "sh", "cs", "CS", "sc", "SC", "scn", "SCN", "ri", "MP",
+            "DP", "BX", "EX", "BI", "ID", "EI", "Tr", "Ts", "Tz", "d0", "d1", "obj", "endobj", "stream", "R", "trueq", "nullq", "falsefalse", "True", "-", "+", ".",
+            "1.2.3", "--1", "1-2", "1a", "..", "+."}) {
+            wrong(word, 11, 0);
+        }
+    }
+
+    private static final String FILE = new Files().object(1, Files.CATALOG).object(2, Files.ONE_PAGE).object(3, Files.PAGE).table("/Root 1 0 R");
+
+    private static void operandForms() {
+        for (String op : new String[] {"q", "Q", "BT", "ET", "T*"}) {
+            wrong("1 " + op, 11, 2);
+            wrong("BT (x) " + op, 11, 7);
+        }
+        for (String op : new String[] {"Tc", "Tw", "TL"}) {
+            takes("-32768 " + op, true);
+            takes("32767 " + op, true);
+            takes("-32768.0 " + op, true);
+            for (String other : new String[] {"", "1 2", "32768", "-32769", "/A", "(1)", "[ 1 ]", "null", "true", "<< >>"}) {
+                takes((other + " " + op).trim(), false);
+            }
+        }
+        for (String op : new String[] {"Td", "TD"}) {
+            for (String other : new String[] {"", "1", "1 2 3", "/A 1", "1 (1)", "32768 1", "1 -32769", "[ 1 ] 2", "[ 1 2 ]"}) {
+                takes("BT " + (other + " " + op).trim() + " ET", false);
+            }
+        }
+        for (String op : new String[] {"cm", "Tm"}) {
+            String bt = op.equals("cm") ? "" : "BT ";
+            for (int at = 0; at < 6; at++) {
+                for (String other : new String[] {"32768", "-32769", "/A", "(1)", "[ ]", "null"}) {
+                    wrong(bt + "1 ".repeat(at) + other + " " + "1 ".repeat(5 - at) + op, 11, bt.length() + 12 - 2 + other.length() + 1);
+                }
+            }
+            wrong(bt + "1 2 3 4 5 " + op, 11, bt.length() + 10);
+            wrong(bt + SIX + " 7 " + op, 11, bt.length() + 14);
+            wrong(bt + op, 11, bt.length());
+        }
+        for (String other : new String[] {"", "/F", "1", "1 /F", "/F /F", "/F (1)", "(F) 1", "/F 32768", "/F -32769", "/F 1 1", "/F /F 1", "[ /F ] 1", "/F [ 1 ]"}) {
+            takes((other + " Tf").trim(), false);
+        }
+        for (String op : new String[] {"Tj", "'"}) {
+            for (String other : new String[] {"", "/A", "1", "[ (x) ]", "(x) (x)", "1 (x)", "null", "<< >>"}) {
+                takes("BT " + (other + " " + op).trim() + " ET", false);
+            }
+        }
+        for (String other : new String[] {"", "(x)", "1", "/A", "[ ] [ ]", "1 [ ]", "[ /A ]", "[ null ]", "[ true ]", "[ [ ] ]", "[ << >> ]", "[ 1 32768 ]",
+            "[ -32769 1 ]", "[ (x) /A ]", "[ 1 (x) 2 null ]", "<< >>"}) {
+            takes("BT " + (other + " TJ").trim() + " ET", false);
+        }
+        shows("BT [ -32768 32767 -32768.0 32767.9 ] TJ ET", 0);
+    }
+
+    /** What is beyond in operands is 5 at its first byte, what is no token 4. */
+    private static void edgesOfOperands() {
+        String[] beyond = {"2147483648", "-2147483649", "32768.0", "-32768.00001", "1.0000000000", "/" + "n".repeat(61), "(" + "s".repeat(2001) + ")",
+            "<" + "41".repeat(2001) + ">"};
+        for (String one : beyond) {
+            wrong(one + " g", 5, 0);
+            wrong("1 [ 2 " + one + " ] g", 5, 6);
+            wrong("<< /A " + one + " >>", 5, 6);
+        }
+        wrong("<< /A 1 /A 2 >>", 5, 8);
+        wrong("<< 99999999999 1 >>", 5, 3);
+        wrong("<< (" + "s".repeat(2001) + ") 1 >>", 5, 3);
+        wrong("[".repeat(20) + "<<", 5, 20);
+        shows("[".repeat(20) + "7" + "]".repeat(20) + " 0 d", 0);
+        shows("(" + "s".repeat(2000) + ") /" + "n".repeat(60) + " -2147483648 2147483647", 0);
+        // The deepest is told for each object anew.
+        shows("[".repeat(20) + "]".repeat(20) + "[".repeat(20) + "]".repeat(20), 0);
+    }
+
+    private static void fullOfOperands() {
+        String forty = "1 ".repeat(40);
+        for (String next : new String[] {"1", "-1.5", "/A", "(x)", "<41>", "[ ]", "<< >>", "true", "false", "null", ")", ">", "{", "}", "]", ">>", "/A#0", "(",
+            "<4g>", "99999999999", "/" + "n".repeat(61), "[ )", "<< 1 >>"}) {
+            wrong(forty + next, 11, 80);
+            wrong(forty + " %x\n\r " + next, 11, 86);
+        }
+        wrong(forty + "m", 11, 80);
+        shows(forty, 0);
+        shows(forty + "% 1", 0);
+        shows(forty + " \r\n", 0);
+        // Parts are none that wait.
+        shows("[ " + "1 ".repeat(50) + "] 0 d " + "/A ".repeat(38) + "[ " + "1 ".repeat(50) + "] << /A 1 >>", 0);
+        String group = "1 ".repeat(39) + "/x ";
+        wrong(group + "q", 11, 78 + 3);
+        shows("1 g ".repeat(100), 0);
+    }
+
+    /** So many objects at a time; an operator takes them, and they count anew. */
+    private static void objectsAtATime() {
+        for (int more = 0; more <= 1; more++) {
+            String zeros = "0 ".repeat(3990);
+            String rest = "0 ".repeat(1996);
+            String tail = "] 1 << /A [ 7 ] /B" + (more == 0 ? " 2 >> " : " [ ] >> ");
+            // The array, 5986 parts, a whole, a dict, two names, an array and its part, and the last: 5994; then six more.
+            String six = "1 1 1 1 1 1 ";
+            String last = more == 0 ? "" : "8 ";
+            PaperHouse x = objects("[" + zeros, rest + tail + six + last + "W");
+            int place = 1 + zeros.length() + 1 + rest.length() + tail.length() + six.length();
+            Checks.due("6000 and " + more, x.show(0), more == 0 ? -111 : -105);
+            Checks.due("the place of it", x.fault(3), place);
+        }
+        PaperHouse y = objects("[" + "0 ".repeat(3990), "0 ".repeat(2008) + "] 0 d [" + "0 ".repeat(1800));
+        Checks.due("an array that does not end", y.show(0), -104);
+        PaperHouse z = objects("[" + "0 ".repeat(3990), "0 ".repeat(2008) + "] 0 d [" + "0 ".repeat(1800) + "] 0 d");
+        Checks.due("they count anew", z.show(0), 0);
+        PaperHouse w = objects("[" + "0 ".repeat(3990), "0 ".repeat(2009) + "] [ ]");
+        Checks.due("they count together", w.show(0), -105);
+        Checks.due("at that array", w.fault(3), 1 + 2 * 3990 + 1 + 2 * 2009 + 2);
+    }
+
+    private static PaperHouse objects(String first, String second) {
+        return Checks.loads("many objects", new Files().object(1, Files.CATALOG).object(2, Files.ONE_PAGE)
+                .object(3, "<< /Type /Page /Parent 2 0 R /MediaBox [ 0 0 10 20 ] /Contents [ 4 0 R 5 0 R ] >>")
+                .stream(4, "/Filter /FlateDecode", Files.deflated(first)).stream(5, "/Filter /FlateDecode", Files.deflated(second))
+                .table("/Root 1 0 R"), 1);
+    }
+
+    private static void whatIsNoToken() {
+        for (String bad : new String[] {")", ">", "{", "}", "]", ">>", "/A#", "/A#00", "(", "(a", "<4", "<4g>", "<4%\n>", "<< /A >>", "<< /A", "<<", "["}) {
+            int place = bad.equals("<< /A >>") ? 6 : bad.equals("<< /A") ? 5 : bad.equals("<<") ? 2 : bad.equals("[") ? 1 : 0;
+            wrong(bad, 4, place);
+            wrong("1 g " + bad, 4, 4 + place);
+        }
+        for (String word : new String[] {"q", "BT", "x", "R", "obj", "1 0 R"}) {
+            wrong("[ " + word + " ] 0 d", 4, word.equals("1 0 R") ? 6 : 2);
+            wrong("<< /A " + word + " >> g", 4, word.equals("1 0 R") ? 8 : 6);
+        }
+        wrong("1 0 R", 11, 4);
+        wrong("[ 1 ", 4, 4);
+        wrong("<< /A 1 ", 4, 8);
+        wrong("<< /A % ", 4, 8);
+    }
+
+    /** q keeps the matrix, the font, size, Tc, Tw, TL; Q brings all of them back. */
+    private static void keptThings() {
+        PaperHouse x = shows("/F 10 Tf 1 Tc 2 Tw 3 TL 1 0 0 1 7 8 cm q 2 0 0 2 1 1 cm /G 20 Tf 4 Tc 5 Tw 6 TL"
+                + " BT (A A) Tj T* (A) Tj ET Q BT (A A) Tj T* (A) Tj ET", 8);
+        glyph("kept", x, 0, 'A', 8, 9, 20, 0);
+        glyph("kept", x, 1, ' ', 8 + 28, 9, 20, 0);
+        glyph("kept", x, 2, 'A', 8 + 28 + 18, 9, 20, 0);
+        glyph("kept", x, 3, 'A', 8, -3, 20, 0);
+        glyph("kept", x, 4, 'A', 7, 8, 10, 4);
+        glyph("kept", x, 5, ' ', 13, 8, 10, 4);
+        glyph("kept", x, 6, 'A', 16, 8, 10, 4);
+        glyph("kept", x, 7, 'A', 7, 5, 10, 4);
+        // The widths are those of the font that is brought back.
+        PaperHouse w = wide("/F 10 Tf q /G 10 Tf BT (AA) Tj ET Q BT (AA) Tj ET");
+        Checks.due("widths within", w.glyph(1, 1), 10 * ONE);
+        Checks.due("widths behind", w.glyph(3, 1), 5 * ONE);
+        Checks.due("font within", w.glyph(1, 4), 6);
+        Checks.due("font behind", w.glyph(3, 4), 4);
+        PaperHouse v = wide("/F 10 Tf q /G 10 Tf q /F 10 Tf Q BT (AA) Tj ET Q BT (AA) Tj ET");
+        Checks.due("widths of the second", v.glyph(1, 1), 10 * ONE);
+        Checks.due("widths of the first", v.glyph(3, 1), 5 * ONE);
+        PaperHouse u = shows("q q 2 0 0 2 0 0 cm Q Q 3 0 0 3 0 0 cm q Q BT /F 1 Tf 1 1 Td (A) Tj ET", 1);
+        glyph("q in q", u, 0, 'A', 3, 3, 1, 4);
+    }
+
+    /** Two fonts of different widths: F of 500 for A and B, G of 1000 for A alone. */
+    private static PaperHouse wide(String contents) {
+        PaperHouse x = Checks.loads("two fonts", new Files().object(1, Files.CATALOG).object(2, Files.ONE_PAGE)
+                .object(3, "<< /Type /Page /Parent 2 0 R /MediaBox [ 0 0 10 20 ] /Resources << /Font << /F 4 0 R /G 6 0 R >> >> >>")
+                .object(4, "<< /Type /Font /FirstChar 65 /LastChar 66 /Widths [ 500 600 ] >>")
+                .object(6, "<< /Type /Font /FirstChar 65 /LastChar 65 /Widths [ 1000 ] >>").table("/Root 1 0 R"), 1);
+        Files.contents(x, 0, contents);
+        Checks.due(contents + ": shown", x.show(0) >= 0, true);
+        return x;
+    }
+
+    private static void edgesOfOrder() {
+        shows("q ".repeat(20) + "Q ".repeat(20) + "q ".repeat(20) + "Q ".repeat(20), 0);
+        wrong("q ".repeat(20) + "q", 12, 40);
+        wrong("q ".repeat(20) + "Q q q", 12, 44);
+        wrong("Q", 12, 0);
+        wrong("q Q Q", 12, 4);
+        for (String op : new String[] {"q", "Q", SIX + " cm", "BT"}) {
+            wrong("BT " + op, 12, 3 + op.lastIndexOf(' ') + 1);
+            wrong("q BT " + op, 12, 5 + op.lastIndexOf(' ') + 1);
+        }
+        for (String op : new String[] {"ET", "1 2 Td", "1 2 TD", SIX + " Tm", "T*", "() Tj", "() '", "[ ] TJ", "[ 1 ] TJ", "[ () ] TJ"}) {
+            wrong(op, 12, op.lastIndexOf(' ') + 1);
+            wrong("BT ET " + op, 12, 6 + op.lastIndexOf(' ') + 1);
+        }
+        for (String op : new String[] {"/F 1 Tf", "1 Tc", "1 Tw", "1 TL", "1 2 m", "W*", "[ ] 0 d", "h"}) {
+            shows(op + " BT " + op + " ET " + op, 0);
+        }
+        wrong("BT", 12, 2);
+        wrong("q BT ET ", 12, 8);
+        wrong("q Q q%x", 12, 7);
+        wrong("q BT", 12, 4);
+        shows("q BT ET Q BT ET", 0);
+    }
+
+    /** Of more than one fault: 11, 12, 13, then as it goes on; what is read ahead goes ahead. */
+    private static void whatGoesAhead() {
+        wrong("1 Q", 11, 2);
+        wrong("BT 1 q", 11, 5);
+        wrong("1 Tj", 11, 2);
+        wrong("(a) 1 Tj", 11, 6);
+        wrong("(a) Tj", 12, 4);
+        wrong("[ (a) ] TJ", 12, 8);
+        wrong("(a) '", 12, 4);
+        wrong("BT (a) '", 13, 7);
+        wrong("BT -32768 TL (a) '", 13, 17);
+        wrong("BT /F 1 Tf -32768 TL (a) '", 14, 25);
+        wrong("BT [ 32767 32767 (a) ] TJ", 13, 23);
+        wrong("/F 32767 Tf BT [ -32767 -32767 (a) ] TJ", 14, 37);
+        wrong("/X 1 1 Tf", 11, 7);
+        wrong("/X 32768 Tf", 11, 9);
+        wrong("32767 0 0 1 0 0 cm 2 0 0 1 0 cm", 11, 29);
+        wrong("BT 2 0 0 1 0 0 cm", 12, 15);
+        wrong("/F 1 Tf BT (" + "A".repeat(1501) + ") '", 5, 1515);
+        wrong("/F 1 Tf BT -32768 TL (" + "A".repeat(1501) + ") '", 14, 1525);
+        // A token that is wrong is told where it is read, even if the operator behind it would be wrong.
+        wrong("1 ) x", 4, 2);
+        wrong("x )", 11, 0);
+        wrong("BT )", 4, 3);
+        wrong("q 99999999999", 5, 2);
+    }
+
+    private static void font(String font, int answer) {
+        PaperHouse x = house(font);
+        Files.contents(x, 0, "/F 1 Tf");
+        Checks.due("font " + font, x.show(0), answer);
+        Checks.due("font " + font + ": place", x.fault(3), answer == 0 ? -1 : 5);
+        PaperHouse y = Checks.loads("a direct font", new Files().object(1, Files.CATALOG).object(2, Files.ONE_PAGE)
+                .object(3, Files.PAGE.replace(" >>", " /Resources << /Font << /G " + font + " >> >> >>")).object(5, "1000").object(6, "4 0 R")
+                .table("/Root 1 0 R"), 1);
+        Files.contents(y, 0, "/G 1 Tf");
+        Checks.due("direct font " + font, y.show(0), answer);
+    }
+
+    private static void edgesOfFonts() {
+        String[] good = {"/FirstChar 0 /LastChar 0 /Widths [ 1 ]", "/FirstChar 255 /LastChar 255 /Widths [ 1 ]", "/FirstChar 7 /LastChar 8 /Widths [ -32768 32767 ]",
+            "/FirstChar 7 /LastChar 8 /Widths [ -32768.0 .5 ]", "/FirstChar 65 /LastChar 65 /Widths [ 5 0 R ]"};
+        for (String one : good) {
+            font("<< /Type /Font " + one + " >>", 0);
+        }
+        String[] bad = {"/FirstChar -1 /LastChar 0 /Widths [ 1 1 ]", "/FirstChar 255 /LastChar 256 /Widths [ 1 1 ]", "/FirstChar 256 /LastChar 256 /Widths [ 1 ]",
+            "/FirstChar 8 /LastChar 7 /Widths [ ]", "/FirstChar 8 /LastChar 8 /Widths [ ]", "/FirstChar 8 /LastChar 8 /Widths [ 1 1 ]",
+            "/FirstChar 8 /LastChar 8 /Widths [ 32768 ]", "/FirstChar 8 /LastChar 8 /Widths [ -32769 ]", "/FirstChar 8 /LastChar 8 /Widths [ (1) ]",
+            "/FirstChar 8 /LastChar 8 /Widths [ null ]", "/FirstChar 8 /LastChar 8 /Widths [ 9 0 R ]", "/FirstChar 8 /LastChar 8 /Widths [ 6 0 R ]",
+            "/FirstChar 8 /LastChar 8 /Widths << /A 1 >>", "/FirstChar 8 /LastChar 8 /Widths 1", "/FirstChar 8 /LastChar 8 /Widths (1)",
+            "/FirstChar 8 /LastChar 8.0 /Widths [ 1 ]", "/FirstChar 8.0 /LastChar 8 /Widths [ 1 ]", "/FirstChar true /LastChar true /Widths [ 1 ]",
+            "/FirstChar null /LastChar 0 /Widths [ 1 ]", "/FirstChar 0 /LastChar null /Widths [ 1 ]", "/LastChar 0 /Widths [ 1 ]", "/FirstChar 0 /Widths [ 1 ]",
+            "/FirstChar 0 /LastChar 0", "/FirstChar 0 /LastChar 0 /Widths null", "/FirstChar /A /LastChar 0 /Widths [ 1 ]", "/FirstChar (x) /LastChar 0 /Widths [ 1 ]",
+            "/FirstChar 0 /LastChar [ 0 ] /Widths [ 1 ]", "/FirstChar 0 /LastChar 2147483647 /Widths [ 1 ]", "/FirstChar -2147483648 /LastChar 0 /Widths [ 1 ]"};
+        for (String one : bad) {
+            font("<< /Type /Font " + one + " >>", -113);
+        }
+        for (String type : new String[] {"/Fonts", "/Fon", "(Font)", "null", "5", "9 0 R", "/font"}) {
+            font("<< /Type " + type + " /FirstChar 0 /LastChar 0 /Widths [ 1 ] >>", -113);
+        }
+        font("<< /FirstChar 0 /LastChar 0 /Widths [ 1 ] >>", -113);
+        for (String resources : new String[] {"<< >>", "<< /Font null >>", "<< /Font 9 0 R >>", "<< /Font [ ] >>", "<< /Font 5 >>", "<< /Font << >> >>",
+            "<< /Font << /F null >> >>", "<< /Font << /F 9 0 R >> >>", "<< /Font << /F 4 1 R >> >>", "<< /Font << /F 5 >> >>", "<< /Font << /f 4 0 R >> >>",
+            "<< /Font << /F 7 0 R >> >>", "<< /Font 8 0 R >>", "<< /F 4 0 R >>", "null"}) {
+            PaperHouse x = Checks.loads("Resources " + resources, new Files().object(1, Files.CATALOG).object(2, Files.ONE_PAGE)
+                    .object(3, Files.PAGE.replace(" >>", " /Resources " + resources + " >>"))
+                    .object(4, "<< /Type /Font /FirstChar 65 /LastChar 65 /Widths [ 1 ] >>")
+                    .stream(7, "/Type /Font /FirstChar 65 /LastChar 65 /Widths [ 1 ]", "").stream(8, "/F 4 0 R", "").table("/Root 1 0 R"), 1);
+            Files.contents(x, 0, "/F 1 Tf");
+            Checks.due("Resources " + resources, x.show(0), -113);
+            Checks.due("Resources " + resources + ": place", x.fault(3), 5);
+        }
+    }
+
+    /** A code outside of FirstChar .. LastChar has no width, also if another font gave it one before. */
+    private static void widthsOfFonts() {
+        PaperHouse x = wide("/F 10 Tf BT (BB) Tj ET /G 10 Tf BT (BB) Tj ET BT (AA) Tj ET");
+        Checks.due("B of F", x.glyph(1, 1), 6 * ONE);
+        Checks.due("B of G", x.glyph(3, 1), 0);
+        Checks.due("A of G", x.glyph(5, 1), 10 * ONE);
+        PaperHouse y = shows("/F 10 Tf BT (@ADC@) Tj ET", 5);
+        glyph("@ and D have none", y, 1, 'A', 0, 0, 10, 4);
+        glyph("A has one", y, 2, 'D', 5, 0, 10, 4);
+        glyph("C has 1000", y, 4, '@', 15, 0, 10, 4);
+        PaperHouse row = Checks.loads("rows", new Files().object(1, Files.CATALOG).object(2, Files.ONE_PAGE)
+                .object(3, "<< /Type /Page /Parent 2 0 R /MediaBox [ 0 0 10 20 ] /Resources << /Font << /F 6 0 R >> >> >>")
+                .object(4, "<< /Type 7 0 R /FirstChar 8 0 R /LastChar 9 0 R /Widths 10 0 R >>").object(6, "5 0 R").object(5, "4 0 R")
+                .object(7, "/Font").object(8, "65").object(9, "8 0 R").object(10, "[ 11 0 R ]").object(11, "12 0 R").object(12, "-250")
+                .table("/Root 1 0 R"), 1);
+        Files.contents(row, 0, "/F -4 Tf BT (AA) Tj ET");
+        Checks.due("all by references", row.show(0), 2);
+        glyph("all by references", row, 1, 'A', 1, 0, -4, 4);
+    }
+
+    private static void units(String contents, int glyph, int left, int up) {
+        PaperHouse x = shows(contents, glyph + 1);
+        Checks.due(contents + ": x", x.glyph(glyph, 1), left);
+        Checks.due(contents + ": y", x.glyph(glyph, 2), up);
+    }
+
+    /** Of two nearest the greater: halves of products and of moves, on both sides of 0. */
+    private static void nearest() {
+        String unit = ".0000153";
+        for (int many = -5; many <= 5; many++) {
+            String far = many == 0 ? "0" : String.format("%s.%09d", many < 0 ? "-" : "", Math.abs(many) * 15259L);
+            int half = Math.floorDiv(many + 1, 2);
+            units("/F 0 Tf .5 0 0 .5 0 0 cm BT " + far + " " + far + " Td (A) Tj ET", 0, half, half);
+            units("/F 0 Tf 0 .5 .5 0 0 0 cm BT " + far + " " + far + " Td (A) Tj ET", 0, half, half);
+            // Each product by itself: two halves make a whole unit more.
+            units("/F 0 Tf .5 .5 .5 .5 0 0 cm BT " + far + " " + far + " Td (A) Tj ET", 0, 2 * half, 2 * half);
+        }
+        Checks.due("one unit", shows("/F " + unit + " Tf BT (A) Tj ET", 1).glyph(0, 3), 1);
+        // The width 500 of a size of one unit is half a unit; of minus one unit, too.
+        units("/F " + unit + " Tf BT (AA) Tj ET", 1, 1, 0);
+        units("/F -" + unit + " Tf BT (AA) Tj ET", 1, 0, 0);
+        units("/F " + unit + " Tf BT [ -500 (A) ] TJ ET", 0, 1, 0);
+        units("/F " + unit + " Tf BT [ 500 (A) ] TJ ET", 0, 0, 0);
+        units("/F " + unit + " Tf BT [ -499 (A) ] TJ ET", 0, 0, 0);
+        units("/F " + unit + " Tf BT [ 501 (A) ] TJ ET", 0, -1, 0);
+        units("/F " + unit + " Tf BT [ -1499 (A) -1500 (A) ] TJ ET", 1, 4, 0);
+        // Tc and Tw come behind the nearest of the width.
+        PaperHouse more = shows("/F " + unit + " Tf " + unit + " Tc " + unit + " Tw BT (A A) Tj ET", 3);
+        Checks.due("behind A and Tc", more.glyph(1, 1), 2);
+        Checks.due("behind a blank, Tc and Tw", more.glyph(2, 1), 4);
+    }
+
+    /** Each of the six of a product, at the last that is allowed and at the first beyond, on either side. */
+    private static void edgesOfProducts() {
+        String[] ones = {"1 0 0 0 0 0", "0 1 0 0 0 0", "0 0 1 0 0 0", "0 0 0 1 0 0", "0 0 0 0 1 0", "0 0 0 0 0 1"};
+        for (int i = 0; i < 6; i++) {
+            // 16384 * 2 is one too many; -16384 * 2 is just the least; one unit less is beyond.
+            product(ones[i].replace("1", "16384"), "2 0 0 2 0 0", true);
+            product(ones[i].replace("1", "-16384"), "2 0 0 2 0 0", false);
+            product(ones[i].replace("1", "16383.99999"), "2 0 0 2 0 0", false);
+            product(ones[i].replace("1", "-16384.00002"), "2 0 0 2 0 0", true);
+            product(ones[i].replace("1", "32767.99999"), "1 0 0 1 0 0", false);
+            product(ones[i].replace("1", "-32768"), "1 0 0 1 0 0", false);
+            product(ones[i].replace("1", "-32768"), "-1 0 0 -1 0 0", true);
+        }
+        // e and f of the other one come to those: 1 and 32767 are one too many.
+        product("1 0 0 1 1 0", "1 0 0 1 32767 0", true);
+        product("1 0 0 1 0 1", "1 0 0 1 0 32767", true);
+        product("1 0 0 1 -1 0", "1 0 0 1 -32767 0", false);
+        product("1 0 0 1 0 -1", "1 0 0 1 0 -32767.00002", true);
+        // A sum within, of parts that are beyond.
+        product("2 2 0 0 0 0", "32767 0 -32767 0 0 0", false);
+        product("0 0 0 0 2 2", "32767 0 -32767 0 0 0", false);
+        product("2 2 0 0 0 0", "32767 0 32767 0 0 0", true);
+    }
+
+    /** The first matrix is the operand, the second one is CTM already. */
+    private static void product(String left, String right, boolean far) {
+        String contents = right + " cm " + left + " cm";
+        if (far) {
+            wrong(contents, 14, contents.length() - 2);
+        } else {
+            shows(contents, 0);
+        }
+    }
+
+    private static void edgesOfMoves() {
+        shows("BT 32767 32767 Td ET", 0);
+        shows("BT -32768 -32768 Td ET", 0);
+        wrong("BT 32767 0 Td 1 0 Td", 14, 18);
+        wrong("BT 0 32767 Td 0 1 Td", 14, 18);
+        shows("BT 32767 0 Td .99998 0 Td ET", 0);
+        wrong("BT -32768 0 Td -.00002 0 Td", 14, 25);
+        wrong("BT 0 -32768 TD", 14, 12);
+        wrong("BT 0 -32768.0 TD", 14, 14);
+        shows("BT 0 -32767.99999 TD ET", 0);
+        shows("BT 0 32767 TD ET", 0);
+        wrong("BT 0 32767 TD 0 TL 0 1 Td", 14, 23);
+        // TL is 32768 less one unit: T* goes as far down, and back up with minus as much.
+        shows("BT 32767.99999 TL T* ET", 0);
+        wrong("BT 32767.99999 TL T* T*", 14, 21);
+        shows("BT -32767.99999 TL T* ET", 0);
+        wrong("BT -32767.99999 TL T* T*", 14, 22);
+        wrong("BT -32768 TL T*", 14, 13);
+        wrong("BT -32768.0 TL T*", 14, 15);
+        wrong("/F 1 Tf BT -32768.0 TL () '", 14, 26);
+        shows("-32768 TL BT ET", 0);
+        // TD sets TL, though it is beyond what it goes to then.
+        PaperHouse x = shows("/F 1 Tf BT 1 -5 TD T* (A) Tj ET BT T* (A) Tj ET", 2);
+        glyph("TD and T*", x, 0, 'A', 1, -10, 1, 4);
+        glyph("TL stays", x, 1, 'A', 0, -5, 1, 4);
+        wrong("BT 32767 0 0 1 0 0 Tm 1 0 Td 1 0 Td", 14, 33);
+        wrong("BT 1 0 0 1 0 0 Tm 1 32767 0 1 0 0 Tm 1 0 Td 1 0 Td", 14, 48);
+    }
+
+    /** The glyph's product, and the move behind it. */
+    private static void edgesOfGlyphs() {
+        String font = "/F 32767 Tf ";
+        // A has the width 500: 16383.5; the third move is beyond.
+        shows(font + "BT (AA) Tj ET", 2);
+        wrong(font + "BT (AAA) Tj", 14, 21);
+        wrong(font + "BT (AA) Tj (A) Tj", 14, 27);
+        shows(font + "BT (A) Tj 0 0 Td (A) Tj ET", 2);
+        // The sum of t: 32767 for C, and Tc, and Tw of a blank.
+        shows("/F 32767 Tf .99998 Tc BT (C) Tj ET", 1);
+        wrong("/F 32767 Tf 1 Tc BT (C) Tj", 14, 24);
+        shows("/F 0 Tf 32767 Tc .99998 Tw BT ( ) Tj ET", 1);
+        wrong("/F 0 Tf 32767 Tc 1 Tw BT ( ) Tj", 14, 29);
+        shows("/F 0 Tf 32767 Tc 1 Tw BT (A) Tj ET", 1);
+        shows("/F 0 Tf -32768 Tc 0 Tw BT ( ) Tj ET", 1);
+        wrong("/F 0 Tf -32768 Tc -.00002 Tw BT ( ) Tj", 14, 36);
+        shows("/F 32767 Tf -32768 Tc 32767 Tw BT (A) Tj ( ) Tj ET", 2);
+        shows("/F 32767 Tf -32767 Tc BT (CCCC) Tj ET", 4);
+        // The width of C at -32768 times 1000 .. the least; for numbers of TJ, too.
+        shows("/F -32768 Tf BT (C) Tj ET", 1);
+        wrong("/F -32768 Tf BT (CA) Tj", 14, 21);
+        shows("/F 32767 Tf BT [ -1000 ] TJ ET", 0);
+        wrong("/F 32767 Tf BT [ -1001 ] TJ", 14, 25);
+        shows("/F -32768 Tf BT [ -1000 ] TJ ET", 0);
+        wrong("/F -32768 Tf BT [ -1000 -1 ] TJ", 14, 29);
+        wrong("/F -32768 Tf BT [ 1000 ] TJ", 14, 25);
+        // All six of TM's product with CTM, though only two of them are the place.
+        for (String tm : new String[] {"16384 0 0 1 0 0", "0 16384 0 1 0 0", "1 0 16384 0 0 0", "1 0 0 16384 0 0", "1 0 0 1 16384 0", "1 0 0 1 0 16384"}) {
+            wrong("/F 1 Tf 2 0 0 2 0 0 cm BT " + tm + " Tm (A) Tj", 14, 26 + tm.length() + 8);
+            shows("/F 1 Tf 2 0 0 2 0 0 cm BT " + tm.replace("16384", "16383.99") + " Tm (A) Tj ET", 1);
+        }
+        // A place that is too far is told ahead of the move, and no glyph stays.
+        Checks.due("none stays", shows("/F 1 Tf BT (A) Tj 32767 Tc (AAA) Tj", -114).glyph(0, 0), -1);
+        wrong("/F 0 Tf BT (" + "A".repeat(1501) + ") Tj", 5, 1515);
+        wrong("/F 0 Tf BT [ (" + "A".repeat(1500) + ") 5 () (A) ] TJ", 5, 1527);
+        shows("/F 0 Tf BT [ (" + "A".repeat(1500) + ") 5 () ] TJ ET", 1500);
+        wrong("/F 1 Tf 32767 Tc BT (" + "A".repeat(1500) + ") Tj", 14, 1523);
+    }
+
+    private static void remarksAndWhite() {
+        shows("1%x\rg%y\n1\0g\f1\tg\r\n%", 0);
+        shows("%", 0);
+        shows("\0\t\n\f\r ", 0);
+        wrong("%x\nx", 11, 3);
+        shows("[(%)%]\n] 0 d", 0);
+        shows("[/A(x)<41>1]0 d", 0);
+        wrong("1g", 11, 0);
+        shows("BT/F 1 Tf(A)Tj[(A)1<41>]TJ ET", 3);
+        shows("BT/F 1 Tf(A)' ET", 1);
+    }
+
+    /** The pieces of contents have one byte between: a token ends there. */
+    private static void severalStreams() {
+        PaperHouse x = Checks.loads("pieces", new Files().object(1, Files.CATALOG).object(2, Files.ONE_PAGE)
+                .object(3, "<< /Type /Page /Parent 2 0 R /MediaBox [ 0 0 10 20 ] /Contents [ 4 0 R 5 0 R 6 0 R 4 0 R ] >>")
+                .stream(4, "", "1 ").stream(5, "", "g %").stream(6, "", "").table("/Root 1 0 R"), 1);
+        Checks.due("pieces: bytes", x.page(0, 6), 10);
+        Checks.due("pieces: show", x.show(0), 0);
+        PaperHouse y = Checks.loads("a row in two pieces", new Files().object(1, Files.CATALOG).object(2, Files.ONE_PAGE)
+                .object(3, "<< /Type /Page /Parent 2 0 R /MediaBox [ 0 0 10 20 ] /Contents [ 4 0 R 5 0 R ] >>")
+                .stream(4, "", "1 r").stream(5, "", "g").table("/Root 1 0 R"), 1);
+        Checks.due("a row in two pieces: show", y.show(0), -111);
+        Checks.due("a row in two pieces: place", y.fault(3), 2);
+        PaperHouse z = Checks.loads("a string in two pieces", new Files().object(1, Files.CATALOG).object(2, Files.ONE_PAGE)
+                .object(3, "<< /Type /Page /Parent 2 0 R /MediaBox [ 0 0 10 20 ] /Contents [ 4 0 R 5 0 R ] /Resources << /Font << /F 6 0 R >> >> >>")
+                .stream(4, "", "/F 1 Tf BT (a").stream(5, "", "b) Tj ET").object(6, FONT.replace(" 5 0 R", " 1")).table("/Root 1 0 R"), 1);
+        Checks.due("a string in two pieces: show", z.show(0), 3);
+        Checks.due("the byte between", z.glyph(1, 0), 10);
+        String zeros = Files.deflated("S ".repeat(4000));
+        PaperHouse full = Checks.loads("full contents", new Files().object(1, Files.CATALOG).object(2, Files.ONE_PAGE)
+                .object(3, "<< /Type /Page /Parent 2 0 R /MediaBox [ 0 0 10 20 ] /Contents [ 4 0 R 4 0 R 4 0 R 4 0 R 5 0 R ] >>")
+                .stream(4, "/Filter /FlateDecode", zeros).stream(5, "/Filter /FlateDecode", Files.deflated("S ".repeat(3997) + "x ")).table("/Root 1 0 R"), 1);
+        Checks.due("full contents: bytes", full.page(0, 6), 40000);
+        Checks.due("full contents: show", full.show(0), -111);
+        Checks.due("full contents: place", full.fault(3), 39998);
+    }
+
+    /** What one page left open has no part in the next one; the glyphs are those of the page shown last. */
+    private static void shownAgain() {
+        PaperHouse x = house(FONT);
+        x.insert(1, 5, 5);
+        Files.contents(x, 0, "/F 2 Tf 3 Tc 4 Tw 5 TL 2 0 0 2 7 7 cm q BT 9 9 Td (A) Tj 1 2 3");
+        Files.contents(x, 1, "BT ET");
+        Checks.due("left open", x.show(0), -112);
+        Checks.due("then another", x.show(1), 0);
+        Checks.due("its fault", x.fault(2), 0);
+        Checks.due("its place", x.fault(3), -1);
+        Files.contents(x, 0, "/F 2 Tf 3 Tc 4 Tw 5 TL 2 0 0 2 7 7 cm BT 9 9 Td (AB) Tj ET 1 2 3");
+        Checks.due("two glyphs", x.show(0), 2);
+        Files.contents(x, 1, "BT (A) Tj ET");
+        Checks.due("the font is gone", x.show(1), -113);
+        Checks.due("so are the glyphs", x.glyph(0, 0), -1);
+        Files.contents(x, 1, "Q");
+        Checks.due("nothing is kept", x.show(1), -112);
+        Files.contents(x, 1, "ET");
+        Checks.due("no BT is open", x.show(1), -112);
+        Files.contents(x, 1, "w");
+        Checks.due("no operand waits", x.show(1), -111);
+        Files.contents(x, 0, "BT /F 0 Tf (A) Tj T* (A A) Tj ET");
+        Checks.due("four glyphs", x.show(0), 4);
+        glyph("all is as at the beginning", x, 1, 'A', 0, 0, 0, 4);
+        glyph("all is as at the beginning", x, 3, 'A', 0, 0, 0, 4);
+        Checks.due("none such", x.show(2), -1);
+        Checks.due("they stay", x.glyph(3, 0), 'A');
+        x.delete(0);
+        Checks.due("they stay behind a change", x.glyph(3, 0), 'A');
+        for (int i : new int[] {-2147483648, -1, 4, 1499, 1500, 2147483647}) {
+            for (int what = 0; what < 5; what++) {
+                Checks.due("glyph " + i, x.glyph(i, what), -1);
+            }
+        }
+        for (int what : new int[] {-2147483648, -1, 5, 2147483647}) {
+            Checks.due("glyph of " + what, x.glyph(0, what), -1);
+        }
     }
 }
