@@ -14,6 +14,22 @@ public final class ChangeTest {
         deepKids();
         manyMoves();
         theCursorGoes();
+        edgesOfInsert();
+        edgesOfDelete();
+        edgesOfMove();
+        edgesOfTurn();
+        edgesOfContents();
+        edgesOfInfo();
+        whereTheyGo();
+        wherePagesAreTaken();
+        countsAbove();
+        takenOver();
+        numbersOfNewOnes();
+        fullOfNumbers();
+        fullOfPages();
+        insideAStream();
+        referencesStay();
+        changesAreForgotten();
         Checks.end();
     }
 
@@ -305,5 +321,464 @@ public final class ChangeTest {
         x.go(1);
         Files.info(x, 0, "");
         Checks.due("info", x.here(0), -1);
+    }
+
+    private static final int[] FAR = {-2147483648, -1000000, -1, 1000000, 2147483647};
+
+    private static void edgesOfInsert() {
+        for (int k = -2; k <= 4; k++) {
+            PaperHouse x = Checks.loads("two pages", twoPages(), 2);
+            boolean good = k >= 0 && k <= 2;
+            Checks.due("insert at " + k, x.insert(k, 1, 1), good ? 5 : -1);
+            Checks.due("pages then", x.pages(), good ? 3 : 2);
+            Checks.due("changed then", x.count(6), good ? 2 : 0);
+            if (good) {
+                Checks.due("it is page " + k, x.page(k, 0), 5);
+            }
+        }
+        PaperHouse x = Checks.loads("two pages", twoPages(), 2);
+        for (int far : FAR) {
+            Checks.due("k " + far, x.insert(far, 1, 1), -1);
+            Checks.due("w " + far, x.insert(0, far, 1), -1);
+            Checks.due("h " + far, x.insert(0, 1, far), -1);
+        }
+        for (int side = -1; side <= 1; side++) {
+            Checks.due("w " + side, x.insert(0, side, 1) >= 0, side == 1);
+            Checks.due("h " + side, x.insert(0, 1, side) >= 0, side == 1);
+            Checks.due("w " + (14400 + side), x.insert(0, 14400 + side, 14400) >= 0, side <= 0);
+            Checks.due("h " + (14400 + side), x.insert(0, 14400, 14400 + side) >= 0, side <= 0);
+        }
+    }
+
+    private static String twoPages() {
+        return new Files().object(1, Files.CATALOG).object(2, "<< /Type /Pages /Kids [ 3 0 R 4 0 R ] /Count 2 >>").object(3, Files.PAGE)
+                .object(4, Files.PAGE).table("/Root 1 0 R");
+    }
+
+    private static void edgesOfDelete() {
+        for (int k = -1; k <= 3; k++) {
+            PaperHouse x = Checks.loads("two pages", twoPages(), 2);
+            boolean good = k >= 0 && k < 2;
+            Checks.due("delete " + k, x.delete(k), good ? 1 : -1);
+            Checks.due("left", pages(x), good ? k == 0 ? "4 " : "3 " : "3 4 ");
+            Checks.due("changed", x.count(6), good ? 1 : 0);
+        }
+        PaperHouse x = Checks.loads("two pages", twoPages(), 2);
+        for (int far : FAR) {
+            Checks.due("delete " + far, x.delete(far), -1);
+        }
+        x.delete(0);
+        x.delete(0);
+        Checks.due("of none", x.delete(0), -1);
+    }
+
+    private static void edgesOfMove() {
+        for (int k = -1; k <= 2; k++) {
+            for (int to = -1; to <= 3; to++) {
+                PaperHouse x = Checks.loads("two pages", twoPages(), 2);
+                boolean good = k >= 0 && k < 2 && to >= 0 && to <= 1;
+                Checks.due("move " + k + " to " + to, x.move(k, to), good ? 3 + k : -1);
+                Checks.due("pages", pages(x), good && k != to ? "4 3 " : "3 4 ");
+                Checks.due("changed", x.count(6), good ? 2 : 0);
+            }
+        }
+        PaperHouse x = Checks.loads("two pages", twoPages(), 2);
+        for (int far : FAR) {
+            Checks.due("move " + far, x.move(far, 0), -1);
+            Checks.due("move to " + far, x.move(0, far), -1);
+        }
+        PaperHouse none = Checks.loads("no pages", Files.empty().table("/Root 1 0 R"), 0);
+        Checks.due("move of none", none.move(0, 0), -1);
+        Checks.due("delete of none", none.delete(0), -1);
+        Checks.due("turn of none", none.turn(0, 90), false);
+        Checks.due("contents of none", Files.contents(none, 0, ""), -1);
+    }
+
+    private static void edgesOfTurn() {
+        PaperHouse x = Checks.loads("two pages", twoPages(), 2);
+        for (int degrees = -460; degrees <= 460; degrees++) {
+            boolean good = degrees % 90 == 0 && degrees >= -360 && degrees <= 360;
+            int before = x.page(1, 5);
+            Checks.due("turn " + degrees, x.turn(1, degrees), good);
+            Checks.due("Rotate behind " + degrees, x.page(1, 5), good ? degrees : before);
+        }
+        for (int far : new int[] {-2147483648, -2147483640, -900, -450, 450, 720, 2147483640, 2147483647}) {
+            Checks.due("turn " + far, x.turn(0, far), false);
+        }
+        for (int k : new int[] {-2147483648, -1, 2, 2147483647}) {
+            Checks.due("turn page " + k, x.turn(k, 90), false);
+        }
+        Checks.due("the other one is not turned", x.page(0, 5), 0);
+        Checks.due("one is changed", x.count(6), 1);
+        PaperHouse y = Checks.loads("Rotate by reference", new Files().object(1, Files.CATALOG).object(2, Files.ONE_PAGE)
+                .object(3, "<< /Type /Page /Rotate 4 0 R /Parent 2 0 R /MediaBox [ 0 0 1 1 ] >>").object(4, "90").table("/Root 1 0 R"), 1);
+        Checks.due("turn", y.turn(0, 0), true);
+        Checks.due("in its place", written(y, 3), "<< /Type /Page /Rotate 0 /Parent 2 0 R /MediaBox [ 0 0 1 1 ] >>");
+        y.go(4);
+        Checks.due("the whole stays", y.here(1), 90);
+    }
+
+    private static void edgesOfContents() {
+        PaperHouse x = Checks.loads("two pages", twoPages(), 2);
+        for (int k : new int[] {-2147483648, -1, 2, 2147483647}) {
+            Checks.due("contents of " + k, Files.contents(x, k, "x"), -1);
+            Checks.due("the tape is used up", x.cut(1), -1);
+        }
+        Checks.due("nothing changed", x.count(6), 0);
+        Checks.due("8000 bytes", Files.contents(x, 1, Files.noise(8000, 3)), 5);
+        Checks.due("they are there", Files.data(x, 5), Files.noise(8000, 3));
+        Checks.due("the tape is used up", x.cut(1), -1);
+        Checks.due("page 1 has them", x.page(1, 6), 8000);
+        Checks.due("page 0 has not", x.page(0, 6), 0);
+        Checks.due("no entries", x.go(5) * 100 + x.here(2), 900);
+        PaperHouse y = Checks.loads("contents there", new Files().object(1, Files.CATALOG).object(2, Files.ONE_PAGE)
+                .object(3, "<< /Contents [ 4 0 R 4 0 R ] /Type /Page /Parent 2 0 R /MediaBox [ 0 0 1 1 ] >>").stream(4, "", "abc").table("/Root 1 0 R"), 1);
+        Checks.due("bytes before", y.page(0, 6), 7);
+        Checks.due("contents", Files.contents(y, 0, "S"), 5);
+        Checks.due("bytes then", y.page(0, 6), 1);
+        Checks.due("in their place", written(y, 3), "<< /Contents 5 0 R /Type /Page /Parent 2 0 R /MediaBox [ 0 0 1 1 ] >>");
+        Checks.due("the stream stays", y.size(4), 3);
+        Checks.due("two are changed", y.count(6), 2);
+        // Streams that no page has any more count among the 40000.
+        for (int i = 0; i < 4; i++) {
+            Checks.due("8000 more", Files.contents(y, 0, Files.repeat("x", 8000)), 6 + i);
+        }
+        Checks.due("7997 are too many", Files.contents(y, 0, Files.repeat("x", 7997)), -1);
+        Checks.due("changed as before", y.count(6), 6);
+        Checks.due("7996 are not", Files.contents(y, 0, Files.repeat("x", 7996)), 10);
+        Checks.due("one is too many", Files.contents(y, 0, "x"), -1);
+        Checks.due("none is not", Files.contents(y, 0, ""), 11);
+    }
+
+    private static void edgesOfInfo() {
+        for (int which : new int[] {-2147483648, -1, 4, 5, 2147483647}) {
+            PaperHouse x = Checks.loads("two pages", twoPages(), 2);
+            Checks.due("info " + which, Files.info(x, which, "x"), -1);
+            Checks.due("the tape is used up", x.cut(1), -1);
+            Checks.due("nothing is there", x.count(2) + x.count(6), 0);
+        }
+        String[] names = {"Title", "Author", "Subject", "Keywords"};
+        for (int which = 0; which < 4; which++) {
+            for (int many = 1999; many <= 2002; many++) {
+                PaperHouse x = Checks.loads("two pages", twoPages(), 2);
+                boolean good = many <= 2000;
+                Checks.due(names[which] + " of " + many, Files.info(x, which, Files.repeat("x", many)), good ? 5 : -1);
+                Checks.due("the tape is used up", x.cut(1), -1);
+                Checks.due("Info", x.count(2), good ? 5 : 0);
+                Checks.due("Size", x.count(0), good ? 6 : 5);
+                if (good) {
+                    Checks.due("its kind", x.go(5), 7);
+                    Checks.due("its entries", x.here(2), 1);
+                    Checks.due("the string", x.down(0), 5);
+                    Checks.due("the name", Files.letters(x, true), names[which]);
+                    Checks.due("the bytes", Files.letters(x, false), Files.repeat("x", many));
+                }
+            }
+        }
+        PaperHouse x = Checks.loads("two pages", twoPages(), 2);
+        StringBuilder all = new StringBuilder();
+        for (int c = 0; c < 256; c++) {
+            all.append((char) c);
+        }
+        Files.info(x, 1, all.toString());
+        Files.info(x, 3, "");
+        x.go(5);
+        x.down(0);
+        Checks.due("all bytes", Files.letters(x, false), all.toString());
+        x.up();
+        x.down(1);
+        Checks.due("no bytes", x.here(2), 0);
+        PaperHouse full = Checks.loads("Info there, Size 200", Files.paged().object(4, "<< /A 1 >>").table("/Info 4 0 R /Root 1 0 R", 200), 1);
+        Checks.due("no new number is needed", Files.info(full, 2, "s"), 4);
+        Checks.due("it comes last", written(full, 4), "<< /A 1 /Subject (s) >>");
+        Checks.due("a stream needs one", Files.contents(full, 0, ""), -1);
+        PaperHouse row = Checks.loads("Info through a row", Files.paged().object(4, "5 0 R").object(5, "<< >>").table("/Info 4 0 R /Root 1 0 R"), 1);
+        Checks.due("the last object", Files.info(row, 0, "t"), 5);
+        Checks.due("is changed", written(row, 5), "<< /Title (t) >>");
+        Checks.due("alone", row.count(6), 1);
+    }
+
+    /** Three nodes: 2 has 3, page 5 and 4; 3 has pages 6, 7; 4 has page 8; 9 is of none. */
+    private static PaperHouse web() {
+        String page = "<< /Type /Page /Parent @ 0 R >>";
+        return Checks.loads("a web", new Files().object(1, Files.CATALOG)
+                .object(2, "<< /Type /Pages /Kids [ 9 0 R 3 0 R 5 0 R 4 0 R ] /Count 4 /MediaBox [ 0 0 9 9 ] >>")
+                .object(3, "<< /Type /Pages /Parent 2 0 R /Kids [ 6 0 R 7 0 R ] /Count 2 >>")
+                .object(4, "<< /Type /Pages /Parent 2 0 R /Kids [ 8 0 R ] /Count 1 >>")
+                .object(5, page.replace("@", "2")).object(6, page.replace("@", "3")).object(7, page.replace("@", "3"))
+                .object(8, page.replace("@", "4")).object(9, "<< /Type /Pages /Parent 2 0 R /Kids [ ] /Count 0 >>")
+                .table("/Root 1 0 R"), 4);
+    }
+
+    private static String kids(PaperHouse x, int node) {
+        x.go(node);
+        StringBuilder all = new StringBuilder();
+        int entries = x.here(2);
+        for (int i = 0; i < entries; i++) {
+            x.down(i);
+            boolean isKids = Files.letters(x, true).equals("Kids");
+            int many = isKids ? x.here(2) : 0;
+            for (int k = 0; k < many; k++) {
+                x.down(k);
+                all.append(x.here(1)).append(x.here(3) == 0 ? " " : "? ");
+                x.up();
+            }
+            if (Files.letters(x, true).equals("Count")) {
+                all.append("of ").append(x.here(1));
+            }
+            x.up();
+        }
+        return all.toString();
+    }
+
+    /** A page comes into the node that has page k, before it; behind the last one into that one's. */
+    private static void whereTheyGo() {
+        String[][] want = {
+            {"10 6 7 of 3", "8 of 1", "9 3 5 4 of 5", "10 6 7 5 8 "}, {"6 10 7 of 3", "8 of 1", "9 3 5 4 of 5", "6 10 7 5 8 "},
+            {"6 7 of 2", "8 of 1", "9 3 10 5 4 of 5", "6 7 10 5 8 "}, {"6 7 of 2", "10 8 of 2", "9 3 5 4 of 5", "6 7 5 10 8 "},
+            {"6 7 of 2", "8 10 of 2", "9 3 5 4 of 5", "6 7 5 8 10 "}};
+        int[] nodes = {3, 3, 2, 4, 4};
+        for (int k = 0; k <= 4; k++) {
+            PaperHouse x = web();
+            Checks.due("insert " + k, x.insert(k, 1, 1), 10);
+            Checks.due("node 3 behind " + k, kids(x, 3), want[k][0]);
+            Checks.due("node 4 behind " + k, kids(x, 4), want[k][1]);
+            Checks.due("node 2 behind " + k, kids(x, 2), want[k][2]);
+            Checks.due("pages behind " + k, pages(x), want[k][3]);
+            Checks.due("the page", written(x, 10), "<< /Type /Page /Parent " + nodes[k] + " 0 R /MediaBox [ 0 0 1 1 ] >>");
+            Checks.due("changed", x.count(6), nodes[k] == 2 ? 2 : 3);
+        }
+    }
+
+    private static void wherePagesAreTaken() {
+        String[][] want = {{"7 of 1", "8 of 1", "9 3 5 4 of 3", "7 5 8 "}, {"6 of 1", "8 of 1", "9 3 5 4 of 3", "6 5 8 "},
+            {"6 7 of 2", "8 of 1", "9 3 4 of 3", "6 7 8 "}, {"6 7 of 2", "of 0", "9 3 5 4 of 3", "6 7 5 "}};
+        int[] changed = {2, 2, 1, 2};
+        for (int k = 0; k < 4; k++) {
+            PaperHouse x = web();
+            int page = x.page(k, 0);
+            Checks.due("delete " + k, x.delete(k), 3);
+            Checks.due("node 3 without " + k, kids(x, 3), want[k][0]);
+            Checks.due("node 4 without " + k, kids(x, 4), want[k][1]);
+            Checks.due("node 2 without " + k, kids(x, 2), want[k][2]);
+            Checks.due("pages without " + k, pages(x), want[k][3]);
+            Checks.due("changed", x.count(6), changed[k]);
+            Checks.due("its object stays", x.go(page), 7);
+            Checks.due("as it was", x.here(2), 2);
+        }
+        PaperHouse x = web();
+        for (int left = 3; left >= 0; left--) {
+            Checks.due("delete the last", x.delete(left), left);
+        }
+        Checks.due("nodes of none", kids(x, 2) + kids(x, 3) + kids(x, 4), "9 3 4 of 0of 0of 0");
+        Checks.due("insert into the first node", x.insert(0, 1, 1), 10);
+        Checks.due("last", kids(x, 2), "9 3 4 10 of 1");
+        PaperHouse y = Checks.loads("one page below", new Files().object(1, Files.CATALOG).object(2, "<< /Type /Pages /Kids [ 3 0 R ] /Count 1 >>")
+                .object(3, "<< /Type /Pages /Parent 2 0 R /Kids [ 4 0 R ] /Count 1 /MediaBox [ 0 0 1 1 ] >>")
+                .object(4, "<< /Type /Page /Parent 3 0 R >>").table("/Root 1 0 R"), 1);
+        Checks.due("the only page is moved", y.move(0, 0), 4);
+        Checks.due("into the first node", kids(y, 2) + ", " + kids(y, 3), "3 4 of 1, of 0");
+        Checks.due("its own", written(y, 4), "<< /Type /Page /Parent 2 0 R /MediaBox [ 0 0 1 1 ] >>");
+    }
+
+    /** All moves of a web's four pages: the order, and that all counts are right. */
+    private static void countsAbove() {
+        for (int k = 0; k < 4; k++) {
+            for (int to = 0; to < 4; to++) {
+                PaperHouse x = web();
+                StringBuilder want = new StringBuilder("6 7 5 8 ");
+                String page = want.substring(2 * k, 2 * k + 2);
+                want.delete(2 * k, 2 * k + 2).insert(2 * to, page);
+                Checks.due("move " + k + " to " + to, x.move(k, to), page.charAt(0) - '0');
+                Checks.due("pages of " + k + " to " + to, pages(x), want.toString());
+                Checks.due("its box", x.page(to, 3), 9 * 65536);
+                x.whole();
+                x.take();
+                Checks.due("it loads " + k + " to " + to, x.load(), 4);
+                PaperHouse y = web();
+                y.move(k, to);
+                y.more();
+                y.take();
+                Checks.due("more loads " + k + " to " + to, y.load(), 4);
+                Checks.due("pages of more", pages(y), want.toString());
+            }
+        }
+    }
+
+    private static void over(String node, String page, String want) {
+        PaperHouse x = Checks.loads("taken over " + page, new Files().object(1, Files.CATALOG)
+                .object(2, "<< /Type /Pages /Kids [ 3 0 R ] /Count 1 /MediaBox [ 0 0 7 7 ] " + node + ">>")
+                .object(3, "<< /Type /Page /Parent 2 0 R " + page + ">>").object(4, "[ 1 2 3 4 ]").object(5, "null").object(6, "<< /A 1 >>")
+                .table("/Root 1 0 R"), 1);
+        Checks.due("move " + page, x.move(0, 0), 3);
+        Checks.due("the page " + page, written(x, 3), "<< /Type /Page /Parent 2 0 R " + want + ">>");
+    }
+
+    /** MediaBox, Resources, Rotate, in this order, as they stand above, where the page has none. */
+    private static void takenOver() {
+        over("", "", "/MediaBox [ 0 0 7 7 ] ");
+        over("/Rotate 90 /Resources << /B [ 2 ] >> ", "", "/MediaBox [ 0 0 7 7 ] /Resources << /B [ 2 ] >> /Rotate 90 ");
+        over("/Rotate 90 /Resources 6 0 R ", "", "/MediaBox [ 0 0 7 7 ] /Resources 6 0 R /Rotate 90 ");
+        over("/Rotate 90 ", "/Rotate 0 ", "/Rotate 0 /MediaBox [ 0 0 7 7 ] ");
+        over("/Rotate 90 ", "/Rotate null ", "/Rotate 90 /MediaBox [ 0 0 7 7 ] ");
+        over("/Rotate 90 ", "/Rotate 5 0 R ", "/Rotate 90 /MediaBox [ 0 0 7 7 ] ");
+        over("/Rotate 90 ", "/Rotate 9 0 R /X 1 ", "/Rotate 90 /X 1 /MediaBox [ 0 0 7 7 ] ");
+        over("", "/MediaBox 4 0 R ", "/MediaBox 4 0 R ");
+        over("/Resources null /Rotate 9 0 R ", "", "/MediaBox [ 0 0 7 7 ] ");
+        over("/Resources << >> ", "/Resources 6 0 R ", "/Resources 6 0 R /MediaBox [ 0 0 7 7 ] ");
+        over("", "/Rotate null /Resources null ", "/Rotate null /Resources null /MediaBox [ 0 0 7 7 ] ");
+        over("/Contents 6 0 R /Other 1 ", "", "/MediaBox [ 0 0 7 7 ] ");
+    }
+
+    private static void numbered(String what, String entry, String trailer, int... want) {
+        PaperHouse x = Checks.loads(what, Files.paged().object(4, entry).table("/Root 1 0 R " + trailer), 1);
+        for (int n : want) {
+            int size = x.count(0);
+            Checks.due(what + ": the next", Files.contents(x, 0, ""), n);
+            Checks.due(what + ": Size", x.count(0), n + 1);
+            for (int passed = size; passed < n; passed++) {
+                Checks.due(what + ": free", x.go(passed), -1);
+            }
+            Checks.due(what + ": a stream", x.go(n), 9);
+        }
+    }
+
+    /** The least number from Size on that no reference names, of whatever generation. */
+    private static void numbersOfNewOnes() {
+        numbered("none", "5", "", 5, 6, 7);
+        numbered("the next one", "5 0 R", "", 6, 7);
+        numbered("of another generation", "[ 5 65535 R ]", "", 6, 7);
+        numbered("two", "[ 6 0 R 5 0 R ]", "", 7, 8);
+        numbered("one behind", "[ 6 0 R ]", "", 5, 7);
+        numbered("deep", "<< /A [ << /B [ 5 0 R ] >> ] >>", "", 6);
+        numbered("in a stream's dict", "<< /A 5 0 R /Length 0 >> stream\n\nendstream", "", 6);
+        numbered("in the trailer", "7", "/X 5 0 R", 6);
+        numbered("deep in the trailer", "7", "/X [ 6 1 R << /Y 5 0 R >> ]", 7);
+        numbered("what a string tells is none", "(5 0 R)", "", 5);
+        numbered("what is far is none yet", "[ 199 0 R 198 0 R ]", "", 5, 6);
+        // What a change took away was read all the same.
+        PaperHouse x = Checks.loads("a Rotate that goes", new Files().object(1, Files.CATALOG).object(2, Files.ONE_PAGE)
+                .object(3, Files.PAGE.replace(" >>", " /Rotate 4 0 R >>")).table("/Root 1 0 R"), 1);
+        x.turn(0, 90);
+        Checks.due("4 was named", x.insert(0, 1, 1), 5);
+        // What a change brought does not count: the Parent of 4 is 2, and 5 is named by none.
+        Checks.due("then 6", x.insert(0, 1, 1), 6);
+    }
+
+    private static void fullOfNumbers() {
+        PaperHouse x = Checks.loads("Size 199, and 199 named", Files.paged().object(4, "199 0 R").table("/Root 1 0 R", 199), 1);
+        Checks.due("insert", x.insert(0, 1, 1), -1);
+        Checks.due("contents", Files.contents(x, 0, ""), -1);
+        Checks.due("info", Files.info(x, 0, ""), -1);
+        Checks.due("nothing changed", x.count(6), 0);
+        Checks.due("Size", x.count(0), 199);
+        PaperHouse y = Checks.loads("Size 198", Files.paged().object(4, "198 0 R").table("/Root 1 0 R", 198), 1);
+        Checks.due("the last number", Files.contents(y, 0, "x"), 199);
+        Checks.due("Size is 200", y.count(0), 200);
+        Checks.due("198 is free", y.go(198), -1);
+        Checks.due("no other one", Files.contents(y, 0, "y"), -1);
+        Checks.due("the contents stay", Files.data(y, 199), "x");
+        Checks.due("delete needs none", y.delete(0), 0);
+        Checks.due("insert needs one", y.insert(0, 1, 1), -1);
+        Checks.due("info needs one", Files.info(y, 0, "y"), -1);
+        PaperHouse all = Checks.loads("all others", Files.paged().object(4, "5").table("/Root 1 0 R"), 1);
+        for (int n = 5; n < 200; n++) {
+            Checks.due("number " + n, Files.contents(all, 0, ""), n);
+        }
+        Checks.due("no 200th", Files.contents(all, 0, ""), -1);
+        Checks.due("195 and a page are changed", all.count(6), 196);
+        Checks.due("more needs none", all.more() > 0, true);
+        Checks.due("objects", all.objects(), 199);
+    }
+
+    private static void fullOfPages() {
+        PaperHouse x = paged();
+        for (int i = 1; i < 60; i++) {
+            Checks.due("insert " + i, x.insert(i / 2, i, i), i + 3);
+        }
+        Checks.due("no 61st", x.insert(30, 1, 1), -1);
+        Checks.due("60 pages", x.pages(), 60);
+        Checks.due("delete one", x.delete(59), 59);
+        Checks.due("one more", x.insert(59, 1, 1), 63);
+        Checks.due("no 61st again", x.insert(60, 1, 1), -1);
+        Checks.due("move of 60", x.move(0, 59) > 0, true);
+        Checks.due("not to 60", x.move(0, 60), -1);
+        x.more();
+        x.take();
+        Checks.due("it loads", x.load(), 60);
+    }
+
+    /** What stands in an object stream is changed like all others, and written as an object. */
+    private static void insideAStream() {
+        Files files = new Files();
+        String tree = "<< /Type /Pages /Kids [ 3 0 R ] /Count 1 >>";
+        String pairs = String.format("1 0 2 %d 3 %d ", Files.CATALOG.length() + 1, Files.CATALOG.length() + tree.length() + 2);
+        files.stream(4, "/Type /ObjStm /N 3 /First " + pairs.length(), pairs + Files.CATALOG + " " + tree + " " + Files.PAGE);
+        int begin = files.length();
+        files.raw("5 0 obj << /Type /XRef /Size 6 /W [ 1 2 1 ] /Index [ 1 4 ] /Root 1 0 R /Length 16 >> stream\n\2\0\4\0\2\0\4\1\2\0\4\2\1\0"
+                + (char) files.placeOf(4) + "\0\nendstream endobj ");
+        PaperHouse x = Checks.loads("all inside", files.end(begin), 1);
+        Checks.due("objects", x.objects(), 4);
+        Checks.due("turn", x.turn(0, 90), true);
+        Checks.due("changed", x.count(6), 1);
+        Checks.due("as an object", written(x, 3), Files.PAGE.replace(" >>", " /Rotate 90 >>"));
+        Checks.due("insert", x.insert(1, 1, 1), 6);
+        x.more();
+        x.take();
+        Checks.due("it loads", x.load(), 2);
+        Checks.due("turned", x.page(0, 5), 90);
+        Checks.due("a row stream again", x.count(4), 1);
+    }
+
+    /** References that stand in what is changed stay as they are, also such as lead nowhere. */
+    private static void referencesStay() {
+        PaperHouse x = Checks.loads("references", new Files().object(1, Files.CATALOG).object(2, "<< /X 9 7 R /Type /Pages /Kids [ 5 0 R 4 0 R ] /Count 2 >>")
+                .object(3, Files.PAGE).object(4, "<< /Y [ 4 3 R 8 0 R ] /Type /Page /Parent 6 0 R /MediaBox 7 0 R >>").object(5, "3 0 R").object(6, "2 0 R")
+                .object(7, "[ 0 0 1 1 ]").table("/Root 1 0 R"), 2);
+        x.move(0, 1);
+        Checks.due("the node", written(x, 2), "<< /X 9 7 R /Type /Pages /Kids [ 4 0 R 3 0 R ] /Count 2 >>");
+        x.turn(0, 180);
+        Checks.due("the page", written(x, 4), "<< /Y [ 4 3 R 8 0 R ] /Type /Page /Parent 6 0 R /MediaBox 7 0 R /Rotate 180 >>");
+        Checks.due("three are changed", x.count(6), 3);
+        Files generation = new Files().object(1, Files.CATALOG).object(3, Files.PAGE);
+        int begin = generation.length();
+        generation.raw("2 5 obj << /Type /Pages /Kids [ 3 0 R ] /Count 1 >> endobj ");
+        int table = generation.length();
+        generation.raw(String.format("xref\n1 3\n%010d 00000 n \n%010d 00005 n \n%010d 00000 n \ntrailer << /Size 4 /Root 1 0 R >>\n",
+                generation.placeOf(1), begin, generation.placeOf(3)));
+        String file = generation.end(table).replace("/Pages 2 0 R", "/Pages 2 5 R").replace("/Parent 2 0 R", "/Parent 2 5 R");
+        PaperHouse y = Checks.loads("a node of generation 5", file, 1);
+        Checks.due("insert", y.insert(0, 1, 1), 4);
+        Checks.due("its Parent", written(y, 4), "<< /Type /Page /Parent 2 5 R /MediaBox [ 0 0 1 1 ] >>");
+        y.more();
+        Checks.due("the node with its generation", Files.out(y).contains("\n2 5 obj\n<< /Type /Pages /Kids [ 4 0 R 3 0 R ] /Count 2 >>\nendobj\n"), true);
+        y.take();
+        Checks.due("it loads", y.load(), 2);
+        y.whole();
+        Checks.due("whole has generation 0", Files.out(y).contains("\n2 0 obj\n<< /Type /Pages /Kids [ 3 0 R 4 0 R ] /Count 2 >>\nendobj\n"), true);
+    }
+
+    /** A document read anew has no part of what was changed before. */
+    private static void changesAreForgotten() {
+        PaperHouse x = Checks.loads("named", Files.paged().object(4, "[ 5 0 R 6 0 R ]").table("/Root 1 0 R"), 1);
+        Files.contents(x, 0, "S");
+        Files.info(x, 0, "T");
+        x.turn(0, 90);
+        x.insert(0, 1, 1);
+        x.delete(1);
+        Files.load(x, Files.paged().table("/Root 1 0 R"));
+        Checks.due("pages", pages(x), "3 ");
+        Checks.due("changed", x.count(6), 0);
+        Checks.due("Info", x.count(2), 0);
+        Checks.due("Size", x.count(0), 4);
+        Checks.due("objects", x.objects(), 3);
+        Checks.due("Rotate", x.page(0, 5), 0);
+        Checks.due("bytes", x.page(0, 6), 0);
+        Checks.due("numbers are named anew", x.insert(0, 1, 1), 4);
+        for (int i = 0; i < 6; i++) {
+            Files.load(x, Files.paged().table("/Root 1 0 R"));
+            Checks.due("bytes are counted anew", Files.contents(x, 0, Files.repeat("x", 8000)), 4);
+            Checks.due("their bytes", x.size(4), 8000);
+        }
     }
 }
