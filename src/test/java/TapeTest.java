@@ -5,6 +5,11 @@ public final class TapeTest {
         feedAndCut();
         theTapeIsUsedUp();
         theOut();
+        bytesOfFeed();
+        edgesOfCut();
+        edgesOfOut();
+        anEmptyOut();
+        everyAnswerOfANewHouse();
         Checks.end();
     }
 
@@ -127,5 +132,134 @@ public final class TapeTest {
         return new Files().object(1, Files.CATALOG).object(2, Files.ONE_PAGE)
                 .object(3, "<< /Type /Page /Parent 2 0 R /A 4 0 R /MediaBox [ 0 0 10 20 ] >>")
                 .stream(4, "", Files.noise(7400, 1)).table("/Root 1 0 R");
+    }
+
+    /** Each number's highest byte comes first; the numbers come in their order. */
+    private static void bytesOfFeed() {
+        PaperHouse x = Checks.loads("a page", Files.paged().table("/Root 1 0 R"), 1);
+        Checks.due("feed", x.feed(0x01020304, 0x85868788, -1, 0x7fffffff, 0x80000000), 20);
+        int n = x.contents(0);
+        int[] want = {1, 2, 3, 4, 0x85, 0x86, 0x87, 0x88, 255, 255, 255, 255, 127, 255, 255, 255, 128, 0, 0, 0};
+        Checks.due("size", x.size(n), 20);
+        for (int i = 0; i < 20; i++) {
+            Checks.due("byte " + i, x.data(n, i), want[i]);
+        }
+        for (int kept = 0; kept <= 20; kept++) {
+            x.feed(0x11121314, 0x15161718, 0x191a1b1c, 0x1d1e1f20, 0x21222324);
+            Checks.due("cut to " + kept, x.cut(kept), 20 - kept);
+            Checks.due("feed behind " + kept, x.feed(1, 2, 3, 4, 5), kept + 20);
+            n = x.contents(0);
+            Checks.due("size behind " + kept, x.size(n), kept + 20);
+            for (int i = 0; i < kept; i++) {
+                Checks.due("kept byte " + i, x.data(n, i), 0x11 + i);
+            }
+            Checks.due("the next", x.data(n, kept + 3), 1);
+        }
+    }
+
+    private static void edgesOfCut() {
+        PaperHouse x = new PaperHouse();
+        x.feed(1, 2, 3, 4, 5);
+        for (int n : new int[] {-2147483648, -20, -1, 21, 22, 8000, 2147483647}) {
+            Checks.due("cut " + n, x.cut(n), -1);
+            Checks.due("it has as many still", x.cut(20), 0);
+        }
+        Checks.due("cut to 19", x.cut(19), 1);
+        Checks.due("not to 20 then", x.cut(20), -1);
+        Checks.due("to 0", x.cut(0), 19);
+        Checks.due("to 0 again", x.cut(0), 0);
+        PaperHouse full = new PaperHouse();
+        for (int i = 0; i < 399; i++) {
+            full.feed(1, 2, 3, 4, 5);
+        }
+        Checks.due("7980 and 20", full.feed(1, 2, 3, 4, 5), 8000);
+        for (int kept = 8000; kept >= 7981; kept--) {
+            full.cut(kept);
+            Checks.due("feed behind " + kept, full.feed(1, 2, 3, 4, 5), -1);
+            Checks.due("nothing came", full.cut(kept), 0);
+        }
+        full.cut(7980);
+        Checks.due("feed behind 7980", full.feed(1, 2, 3, 4, 5), 8000);
+    }
+
+    private static void edgesOfOut() {
+        PaperHouse x = Checks.loads("a page", Files.paged().table("/Root 1 0 R"), 1);
+        for (int i : new int[] {-2147483648, -1, 0, 1, 2147483647}) {
+            Checks.due("nothing yet at " + i, x.out(i), -1);
+        }
+        int many = x.more();
+        for (int i : new int[] {-2147483648, -1, many, many + 1, 29999, 30000, 2147483647}) {
+            Checks.due("no byte " + i, x.out(i), -1);
+        }
+        Checks.due("the first", x.out(0), '%');
+        Checks.due("the last", x.out(many - 1), 10);
+        Files.contents(x, 0, Files.noise(3000, 6));
+        x.more();
+        boolean[] seen = new boolean[256];
+        for (int i = 0; i < x.outs(); i++) {
+            int c = x.out(i);
+            Checks.due("byte " + i, c >= 0 && c < 256, true);
+            seen[c & 255] = true;
+        }
+        int kinds = 0;
+        for (boolean one : seen) {
+            kinds += one ? 1 : 0;
+        }
+        Checks.due("bytes of all kinds", kinds > 250, true);
+    }
+
+    private static void anEmptyOut() {
+        PaperHouse x = new PaperHouse();
+        x.feed(1, 2, 3, 4, 5);
+        Checks.due("take of nothing", x.take(), 0);
+        Checks.due("the tape is empty", x.cut(1), -1);
+        Checks.due("sum of nothing", x.sum(), 1);
+        x.feed(1, 2, 3, 4, 5);
+        Checks.due("whole without a document", x.whole(), -1);
+        Checks.due("the tape stays", x.cut(20), 0);
+        Checks.due("more without a document", x.more(), -1);
+        Checks.due("the tape stays", x.cut(20), 0);
+    }
+
+    /** Every call of a new house, and of one whose file was refused, with far numbers. */
+    private static void everyAnswerOfANewHouse() {
+        for (int round = 0; round < 2; round++) {
+            PaperHouse x = new PaperHouse();
+            if (round == 1) {
+                Files.load(x, Files.paged().table("/Root 1 0 R"));
+                x.go(1);
+                x.show(0);
+                Checks.due("refused", Files.load(x, Files.paged().table("/Root 9 0 R")), -110);
+            }
+            for (int n : new int[] {-2147483648, -1, 0, 1, 2, 3, 200, 2147483647}) {
+                Checks.due("objects and pages", x.objects() + x.pages(), -2);
+                Checks.due("go " + n, x.go(n), -1);
+                Checks.due("down " + n, x.down(n), -1);
+                Checks.due("up", x.up(), -1);
+                Checks.due("here " + n, x.here(n), -1);
+                Checks.due("letter " + n, x.letter(n, true) + x.letter(n, false), -2);
+                Checks.due("size " + n, x.size(n), -1);
+                Checks.due("data " + n, x.data(n, 0) + x.data(3, n), -2);
+                Checks.due("count " + n, x.count(n), -1);
+                Checks.due("page " + n, x.page(n, 0) + x.page(0, n), -2);
+                Checks.due("show " + n, x.show(n), -1);
+                Checks.due("glyph " + n, x.glyph(n, 0) + x.glyph(0, n), -2);
+                Checks.due("insert " + n, x.insert(n, 1, 1), -1);
+                Checks.due("delete " + n, x.delete(n), -1);
+                Checks.due("move " + n, x.move(n, 0), -1);
+                Checks.due("turn " + n, x.turn(n, 90), false);
+                Checks.due("contents " + n, x.contents(n), -1);
+                Checks.due("info " + n, x.info(n), -1);
+                Checks.due("whole and more", x.whole() + x.more(), -2);
+                Checks.due("out " + n, x.out(n), -1);
+            }
+            Checks.due("fault(0)", x.fault(0), round == 0 ? 0 : 10);
+            Checks.due("fault(1)", x.fault(1), round == 0 ? -1 : 0);
+            Checks.due("fault(2)", x.fault(2), 0);
+            Checks.due("fault(3)", x.fault(3), -1);
+            for (int what : new int[] {-2147483648, -1, 4, 2147483647}) {
+                Checks.due("fault of " + what, x.fault(what), -1);
+            }
+        }
     }
 }

@@ -13,6 +13,25 @@ public final class WriteTest {
         moreRows();
         moreRefused();
         roundAndRound();
+        bytesOfNames();
+        bytesOfStrings();
+        realsInDigits();
+        wholesInDigits();
+        emptyAndDeep();
+        streamsAreCoded();
+        codesByThePlainWay();
+        rowsOfAllLengths();
+        whatIsNull();
+        onceEach();
+        wholeOfGenerations();
+        theOutIsFull();
+        theTapeIsFull();
+        rowsOfChanges();
+        endsOfFiles();
+        rootsAsTheyAre();
+        ownNumbers();
+        generationsInRows();
+        writtenAgain();
         Checks.end();
     }
 
@@ -286,5 +305,516 @@ public final class WriteTest {
         x.more();
         x.take();
         Checks.due("an eleventh section", x.load(), -105);
+    }
+
+    private static void bytesOfNames() {
+        StringBuilder all = new StringBuilder();
+        for (int c = 1; c < 256; c++) {
+            boolean plain = c >= 33 && c <= 126 && "()<>[]{}/%#".indexOf(c) < 0;
+            String written = plain ? "" + (char) c : String.format("#%02X", c);
+            value(String.format("/x#%02xy", c), "/x" + written + "y");
+            value(String.format("<< /x#%02xy 1 >>", c), "<< /x" + written + "y 1 >>");
+            if (plain) {
+                value("/" + (char) c, "/" + (char) c);
+            }
+            all.append(c % 5 == 0 ? written : "");
+        }
+        value("/" + Files.repeat("#80", 60), "/" + Files.repeat("#80", 60));
+        value("<< / 1 >>", "<< / 1 >>");
+    }
+
+    private static void bytesOfStrings() {
+        for (int c = 0; c < 256; c++) {
+            boolean plain = c >= 32 && c <= 126 && c != '(' && c != ')' && c != '\\';
+            String hex = String.format("%02X", c);
+            value("<" + hex + ">", plain ? "(" + (char) c + ")" : "<" + hex + ">");
+            value("<61" + hex + "62>", plain ? "(a" + (char) c + "b)" : "<61" + hex + "62>");
+        }
+        value("(a(b)c)", "<6128622963>");
+        value("(" + Files.repeat("x", 2000) + ")", "(" + Files.repeat("x", 2000) + ")");
+        value("<" + Files.repeat("ff", 2000) + ">", "<" + Files.repeat("FF", 2000) + ">");
+        value("<7>", "(p)");
+    }
+
+    /** A real of so many units, told by a number that is nearest to it. */
+    private static void real(int units) {
+        java.math.BigDecimal exact = new java.math.BigDecimal(units).divide(new java.math.BigDecimal(65536));
+        java.math.BigDecimal five = exact.abs().setScale(5, java.math.RoundingMode.HALF_UP);
+        String digits = five.toPlainString();
+        while (digits.endsWith("0") && !digits.endsWith(".0")) {
+            digits = digits.substring(0, digits.length() - 1);
+        }
+        value(exact.setScale(9, java.math.RoundingMode.HALF_UP).toPlainString(), (units < 0 ? "-" : "") + digits);
+    }
+
+    private static void realsInDigits() {
+        for (int units = -70; units <= 70; units++) {
+            real(units);
+        }
+        for (int power = 1; power < 31; power++) {
+            for (int more = -1; more <= 1; more++) {
+                real((1 << power) + more);
+                real(-(1 << power) + more);
+            }
+        }
+        for (int units : new int[] {65535, 65536, 65537, 131071, 655359, 655360, 2147483647, -2147483647, -2147483648, 6553600, 32768, 16384, 8192, 4096, 2048,
+            1024, 98304, 6554, 13107, 19661, 45875, 58982}) {
+            real(units);
+            real(-Math.max(units, -2147483647));
+        }
+        for (int i = 0; i < 2000; i++) {
+            real(i * 1048583 - 1048576000);
+        }
+        value("-0.000001", "0.0");
+        value("-.0", "0.0");
+        value("+0.", "0.0");
+        // 3 / 64 has six digits: of two nearest of five the greater one, without the sign.
+        value(".046875", "0.04688");
+        value("-.046875", "-0.04688");
+        value("9.046875", "9.04688");
+        value(".999985", "0.99998");
+    }
+
+    private static void wholesInDigits() {
+        long power = 1;
+        for (int i = 0; i <= 9; i++, power *= 10) {
+            for (long more = -1; more <= 1; more++) {
+                value("" + (power + more), "" + (power + more));
+                value("" + (-power + more), "" + (-power + more));
+                value("+000" + (power + more), "" + (power + more));
+            }
+        }
+        value("2147483647", "2147483647");
+        value("-2147483647", "-2147483647");
+        value("-00", "0");
+    }
+
+    private static void emptyAndDeep() {
+        value("[]", "[ ]");
+        value("<<>>", "<< >>");
+        value("[[][]]", "[ [ ] [ ] ]");
+        value("<</A<<>>/B[]/C()/D/>>", "<< /A << >> /B [ ] /C () /D / >>");
+        String deep = Files.repeat("[", 19) + "1" + Files.repeat("]", 19);
+        value(deep, Files.repeat("[ ", 19) + "1" + Files.repeat(" ]", 19));
+        String dicts = Files.repeat("<</A", 19) + " 1" + Files.repeat(">>", 19);
+        value(dicts, Files.repeat("<< /A ", 19) + "1" + Files.repeat(" >>", 19));
+        value("[null true false 1 -1.5/A(x)<80>[]<<>>1 0 R]", "[ null true false 1 -1.5 /A (x) <80> [ ] << >> 1 0 R ]");
+    }
+
+    /** A stream's dict as it is written, by what was read. */
+    private static void streamDict(String read, String data, String written) {
+        PaperHouse x = Checks.loads(read, new Files().object(1, "<< /Type /Catalog /S 3 0 R /Pages 2 0 R >>").object(2, Files.NO_PAGES)
+                .object(3, "<< " + read + " /Length " + data.length() + " >> stream\n" + data + "\nendstream").table("/Root 1 0 R"), 0);
+        String text = Files.data(x, 3);
+        String code = plainCode(text);
+        String want = "\n2 0 obj\n<< " + written + "/Length " + code.length() + " /Filter /FlateDecode >>\nstream\n" + code + "\nendstream\nendobj\n";
+        Checks.due(read, whole(x).contains(want), true);
+        x.take();
+        Checks.due(read + ": load", x.load(), 0);
+        Checks.due(read + ": data", Files.data(x, 2), text);
+    }
+
+    private static void streamsAreCoded() {
+        String flate = Files.deflated("some text, some text");
+        streamDict("", "abc", "");
+        streamDict("/A 1", "", "/A 1 ");
+        streamDict("/Filter /FlateDecode /A 1", flate, "/A 1 ");
+        streamDict("/A 1 /Filter [ /FlateDecode ] /B 2", flate, "/A 1 /B 2 ");
+        streamDict("/DecodeParms null /B << /Length 1 /Filter /X >>", "abc", "/B << /Length 1 /Filter /X >> ");
+        streamDict("/Filter /ASCIIHexDecode /DecodeParms << >> /Z [ /Length ]", "6162>", "/Z [ /Length ] ");
+        streamDict("/Filter [ ]", "abc", "");
+        streamDict("/Lengths 1 /Filte 2 /DecodeParm 3", "abc", "/Lengths 1 /Filte 2 /DecodeParm 3 ");
+        streamDict("/Type /XRef /Filter [ /ASCIIHexDecode /FlateDecode ]", Files.hex(flate), "/Type /XRef ");
+    }
+
+    /** The code by the document's words alone: at each place all distances are tried. */
+    private static String plainCode(String text) {
+        Bits bits = begun();
+        int[] bases = {3, 4, 5, 6, 7, 8, 9, 10, 11, 13, 15, 17, 19, 23, 27, 31, 35, 43, 51, 59, 67, 83, 99, 115, 131, 163, 195, 227, 258};
+        int at = 0;
+        while (at < text.length()) {
+            int best = 0;
+            int far = 0;
+            for (int distance = 1; distance <= 2000 && distance <= at; distance++) {
+                int same = 0;
+                while (same < 258 && at + same < text.length() && text.charAt(at + same) == text.charAt(at + same - distance)) {
+                    same++;
+                }
+                if (same > best) {
+                    best = same;
+                    far = distance;
+                }
+            }
+            if (best < 3) {
+                int c = text.charAt(at);
+                bits.code(c < 144 ? 48 + c : 256 + c, c < 144 ? 8 : 9);
+                at++;
+                continue;
+            }
+            int kind = 28;
+            while (bases[kind] > best) {
+                kind--;
+            }
+            bits.code(kind < 23 ? 1 + kind : 192 + kind - 23, kind < 23 ? 7 : 8);
+            bits.add(best - bases[kind], kind < 8 || kind == 28 ? 0 : kind / 4 - 1);
+            int farKind = 0;
+            int base = 1;
+            int more = 0;
+            while (far >= base + (1 << more)) {
+                base += 1 << more;
+                farKind++;
+                more = Math.max(0, farKind / 2 - 1);
+            }
+            bits.code(farKind, 5).add(far - base, more);
+            at += best;
+        }
+        return bits.code(0, 7).zlib(text);
+    }
+
+    private static void codesByThePlainWay() {
+        for (int i = 0; i < 60; i++) {
+            int letters = 1 + i % 7 * (i % 5);
+            int many = i < 40 ? i * 7 : i * 90;
+            String noise = Files.noise(many, i + 1);
+            StringBuilder text = new StringBuilder();
+            for (int k = 0; k < many; k++) {
+                text.append((char) (noise.charAt(k) % letters * (1 + 255 / letters) & 255));
+            }
+            same("letters " + letters + ", bytes " + many, text.toString());
+        }
+        for (String text : new String[] {"", "a", "aa", "aaa", "aaaa", "abab", "ababab", "abcab", "abcabc", "\u008f\u0090\u00ff\0"}) {
+            same(text, text);
+        }
+        for (int more = -2; more <= 2; more++) {
+            same("rows of " + (259 + more), Files.repeat("z", 259 + more) + "y" + Files.repeat("z", 300));
+            String noise = Files.noise(1997 + more, 11);
+            same("distance " + (2000 + more), "abc" + noise + "abc" + noise.substring(0, 40));
+        }
+        // A nearer row of the same length goes ahead, a longer one farther away goes ahead of both.
+        same("the nearest", "abcdX" + Files.noise(500, 2) + "abcdY" + Files.noise(500, 3) + "abcdZ" + "abcdXabcdY");
+    }
+
+    private static void same(String what, String text) {
+        Checks.due("the code of " + what, Files.hex(coded(text)), Files.hex(plainCode(text)));
+    }
+
+    /** Rows of 3 to 258 bytes, at distances of all kinds. */
+    private static void rowsOfAllLengths() {
+        for (int from = 3; from <= 258; from += 8) {
+            StringBuilder text = new StringBuilder();
+            for (int length = from; length < from + 8 && length <= 258; length++) {
+                String noise = Files.noise(length, length + 500);
+                text.append(noise).append((char) (length & 255)).append(Files.noise(length % 50, length)).append(noise).append((char) (length + 1 & 255));
+            }
+            same("rows from " + from, text.toString());
+        }
+        same("distances", distances());
+    }
+
+    /** What references of all kinds are written as in WHOLE: those that lead nowhere as null. */
+    private static void whatIsNull() {
+        Files files = new Files().object(1, "<< /Type /Catalog /Pages 2 0 R /X [ 30 0 R 20 0 R 5 0 R 5 1 R 6 0 R 199 7 R 4 0 R 7 0 R ] >>")
+                .object(2, Files.NO_PAGES).object(4, "null").object(5, "(five)").object(6, "6 0 R").object(7, "8 0 R").object(8, "9 1 R").object(9, "9");
+        for (int n = 20; n < 50; n++) {
+            files.object(n, (n + 1) + " 0 R");
+        }
+        files.object(50, "(end)");
+        PaperHouse x = Checks.loads("rows of references", files.table("/Root 1 0 R"), 0);
+        String all = whole(x);
+        // From 30 on it is a row of 21; one from 31 on would be of 20.
+        Checks.due("what is NULL", all.contains("1 0 obj\n<< /Type /Catalog /Pages 2 0 R /X [ null null 3 0 R null null null 4 0 R null ] >>\nendobj\n"), true);
+        Checks.due("a null object", all.contains("\n4 0 obj\nnull\nendobj\nxref\n0 5\n"), true);
+        PaperHouse y = Checks.loads("a row of 20", files20("31 0 R"), 0);
+        Checks.due("a row of 20 leads to its end", whole(y).contains("/X 3 0 R >>\nendobj\n"), true);
+        Checks.due("its end", Files.out(y).contains("\n3 0 obj\n(end)\nendobj\n"), true);
+        PaperHouse z = Checks.loads("a row of 21", files20("30 0 R"), 0);
+        Checks.due("a row of 21 is null", whole(z).contains("/X null >>\nendobj\n"), true);
+    }
+
+    private static String files20(String reference) {
+        Files files = new Files().object(1, "<< /Type /Catalog /Pages 2 0 R /X " + reference + " >>").object(2, Files.NO_PAGES);
+        for (int n = 30; n < 50; n++) {
+            files.object(n, (n + 1) + " 0 R");
+        }
+        return files.object(50, "(end)").table("/Root 1 0 R");
+    }
+
+    private static void onceEach() {
+        PaperHouse x = Checks.loads("met more than once", new Files().object(3, "<< /Type /Catalog /A 9 0 R /Pages 5 0 R /B 9 0 R /C 7 0 R /Me 3 0 R >>")
+                .object(5, Files.NO_PAGES).object(7, "[ 8 0 R 9 0 R ]").object(8, "(eight)").object(9, "[ 7 0 R 3 0 R 10 0 R ]").object(10, "<< /P 9 0 R >>")
+                .object(11, "(never met)").object(12, "[ 11 0 R 3 0 R ]").table("/Root 3 0 R /Info 10 0 R /Other 12 0 R"), 0);
+        String all = whole(x);
+        String body = all.substring(0, all.indexOf("xref\n"));
+        Checks.due("in the order of meeting", body, "%PDF-1.7\n1 0 obj\n<< /Type /Catalog /A 3 0 R /Pages 4 0 R /B 3 0 R /C 5 0 R /Me 1 0 R >>\nendobj\n"
+                + "2 0 obj\n<< /P 3 0 R >>\nendobj\n3 0 obj\n[ 5 0 R 1 0 R 2 0 R ]\nendobj\n4 0 obj\n" + Files.NO_PAGES + "\nendobj\n"
+                + "5 0 obj\n[ 6 0 R 3 0 R ]\nendobj\n6 0 obj\n(eight)\nendobj\n");
+        StringBuilder table = new StringBuilder("xref\n0 7\n0000000000 65535 f \n");
+        for (int n = 1; n <= 6; n++) {
+            table.append(String.format("%010d 00000 n \n", body.indexOf("\n" + n + " 0 obj\n") + 1));
+        }
+        Checks.due("the table and what is behind", all.substring(body.length()), table + "trailer\n<< /Size 7 /Root 1 0 R /Info 2 0 R >>\nstartxref\n"
+                + body.length() + "\n%%EOF\n");
+    }
+
+    private static void wholeOfGenerations() {
+        Files files = new Files().object(1, "<< /Type /Catalog /Pages 2 0 R /X [ 3 7 R 3 0 R ] >>").object(2, Files.NO_PAGES);
+        int three = files.length();
+        files.raw("3 7 obj (x) endobj ");
+        int begin = files.length();
+        files.raw(String.format("xref\n1 3\n%010d 00000 n \n%010d 00000 n \n%010d 00007 n \ntrailer << /Size 4 /Root 1 0 R >>\n",
+                files.placeOf(1), files.placeOf(2), three));
+        PaperHouse x = Checks.loads("generation 7", files.end(begin), 0);
+        Checks.due("written with 0", whole(x).contains("/X [ 3 0 R null ] >>\nendobj\n"), true);
+        Checks.due("its object, too", Files.out(x).contains("\n3 0 obj\n(x)\nendobj\n"), true);
+    }
+
+    /** A house whose document is written as so many bytes by a way, made longer by its Title. */
+    private static PaperHouse written(boolean inWhole, int bytes) {
+        PaperHouse x = Checks.loads("a page", Files.paged().table("/Root 1 0 R"), 1);
+        for (int i = 1; i < 4; i++) {
+            x.insert(0, 1, 1);
+        }
+        Files.info(x, 0, "");
+        int[] sizes = {7800, 7800, 7800, 0};
+        for (int k = 0; k < 4; k++) {
+            int left = bytes - (inWhole ? x.whole() : x.more());
+            int many = Math.min(sizes[k], Math.max(0, (left - 1800) * 9 / 10));
+            Files.contents(x, k, Files.noise(many, k + 77));
+        }
+        for (int i = 0; i < 3; i++) {
+            int left = bytes - (inWhole ? x.whole() : x.more());
+            if (left > 1000) {
+                Files.info(x, 1 + i, Files.repeat("t", left > 2900 ? 1900 : left - 900));
+            }
+        }
+        int left = bytes - (inWhole ? x.whole() : x.more());
+        Files.info(x, 0, Files.repeat("t", Math.max(0, Math.min(2000, left))));
+        return x;
+    }
+
+    private static void theOutIsFull() {
+        for (int more = -1; more <= 2; more++) {
+            PaperHouse x = written(true, 29999);
+            Checks.due("whole up to 29999", x.whole(), 29999);
+            grow(x, 1 + more);
+            Checks.due("whole of " + (30000 + more), x.whole(), more <= 0 ? 30000 + more : -1);
+            Checks.due("outs", x.outs(), more <= 0 ? 30000 + more : 0);
+            Checks.due("the last byte", x.out(x.outs() - 1), more <= 0 ? 10 : -1);
+            Checks.due("the sum", x.sum() == 1, more > 0);
+            x.delete(0);
+            Checks.due("a smaller one", x.whole() > 9000, true);
+            PaperHouse y = written(false, 29999);
+            Checks.due("more up to 29999", y.more(), 29999);
+            grow(y, 1 + more);
+            Checks.due("more of " + (30000 + more), y.more(), more <= 0 ? 30000 + more : -1);
+            Checks.due("outs of more", y.outs(), more <= 0 ? 30000 + more : 0);
+            Checks.due("the first byte of it", y.out(0), more <= 0 ? '%' : -1);
+            Checks.due("whole is less", y.whole() > 0, true);
+        }
+    }
+
+    /** The Title gets so many bytes more. */
+    private static void grow(PaperHouse x, int more) {
+        x.go(x.count(2));
+        x.down(0);
+        int many = x.here(2);
+        Files.info(x, 0, Files.repeat("t", many + more));
+    }
+
+    private static void theTapeIsFull() {
+        for (int more = -1; more <= 1; more++) {
+            PaperHouse x = written(true, 7999);
+            Checks.due("whole up to 7999", x.whole(), 7999);
+            grow(x, 1 + more);
+            Checks.due("whole of " + (8000 + more), x.whole(), 8000 + more);
+            Files.feed(x, "abc");
+            Checks.due("take of " + (8000 + more), x.take(), more <= 0 ? 8000 + more : -1);
+            Checks.due("the tape then", x.cut(more <= 0 ? 8000 + more : 3), 0);
+            Checks.due("no more than that", x.cut(more <= 0 ? 8001 + more : 4), -1);
+            Checks.due("the out stays", x.outs(), 8000 + more);
+            Checks.due("a full tape", x.feed(1, 2, 3, 4, 5), more <= 0 ? -1 : 23);
+        }
+    }
+
+    /** Which numbers a new table tells of, row by row. */
+    private static void rowsOfChanges() {
+        Files files = new Files().object(1, Files.CATALOG).object(2, "<< /Type /Pages /Kids [ 4 0 R 5 0 R 7 0 R 8 0 R 9 0 R ] /Count 5 >>").object(3, "(x)")
+                .object(6, "[ 11 0 R 12 0 R 15 0 R ]");
+        for (int n : new int[] {4, 5, 7, 8, 9}) {
+            files.object(n, Files.PAGE);
+        }
+        String file = files.table("/Root 1 0 R");
+        listed(file, "", "0 0");
+        listed(file, "0", "4 1");
+        listed(file, "4", "9 1");
+        listed(file, "01", "4 2");
+        listed(file, "02", "4 1, 7 1");
+        listed(file, "1234", "5 1, 7 3");
+        listed(file, "i", "10 1");
+        listed(file, "ii", "10 4");
+        listed(file, "iii", "10 5");
+        listed(file, "iiii", "10 7");
+        listed(file, "4i", "9 2");
+        listed(file, "0iii", "4 1, 10 5");
+        listed(file, "d", "2 1");
+        listed(file, "di3", "2 1, 8 1, 10 1");
+    }
+
+    /** Changes: a digit turns that page, i makes Info or, if there is one, a stream; d takes the last page out. */
+    private static void listed(String file, String changes, String want) {
+        PaperHouse x = Checks.loads("changes " + changes, file, 5);
+        for (char c : changes.toCharArray()) {
+            if (c == 'd') {
+                x.delete(4);
+            } else if (c == 'i' && x.count(2) == 0) {
+                Files.info(x, 0, "t");
+            } else if (c == 'i') {
+                x.turn(0, 0);
+                Files.contents(x, 0, "");
+            } else {
+                x.turn(c - '0', 90);
+            }
+        }
+        x.more();
+        String more = Files.out(x).substring(file.length());
+        String table = more.substring(more.indexOf("xref\n") + 5, more.indexOf("trailer\n"));
+        StringBuilder rows = new StringBuilder();
+        for (String line : table.split("\n")) {
+            if (line.length() < 19) {
+                rows.append(rows.length() > 0 ? ", " : "").append(line);
+            }
+        }
+        String due = changes.contains("ii") ? (want.startsWith("4 1") ? want : "4 1, " + want) : want;
+        Checks.due("rows of " + changes, rows.toString(), due);
+        x.take();
+        Checks.due("it loads", x.load(), changes.contains("d") ? 4 : 5);
+    }
+
+    private static void endsOfFiles() {
+        String file = Files.paged().table("/Root 1 0 R");
+        String bare = file.substring(0, file.length() - 1);
+        for (String end : new String[] {"", " ", "\r", "\0", "\t", "\n ", "\n\r"}) {
+            PaperHouse x = Checks.loads("an end", bare + end, 1);
+            x.more();
+            Checks.due("a 10 comes behind", Files.out(x).startsWith(bare + end + "\nxref\n0 0\n"), true);
+        }
+        for (String end : new String[] {"\n", "\r\n", "\n\n", " \n"}) {
+            PaperHouse x = Checks.loads("an end of 10", bare + end, 1);
+            x.more();
+            Checks.due("no 10 comes behind", Files.out(x).startsWith(bare + end + "xref\n0 0\n"), true);
+            Checks.due("its place", Files.out(x).endsWith("startxref\n" + (bare + end).length() + "\n%%EOF\n"), true);
+        }
+    }
+
+    /** Root and Info in what is written are the last objects of rows. */
+    private static void rootsAsTheyAre() {
+        PaperHouse x = Checks.loads("rows", Files.paged().object(4, "1 0 R").object(5, "6 0 R").object(6, "<< >>").table("/Root 4 0 R /Info 5 0 R"), 1);
+        x.more();
+        Checks.due("in more", Files.out(x).contains("<< /Size 7 /Root 1 0 R /Info 6 0 R /Prev "), true);
+        x.whole();
+        Checks.due("in whole", Files.out(x).contains("<< /Size 5 /Root 1 0 R /Info 2 0 R >>"), true);
+        x.more();
+        x.take();
+        Checks.due("it loads", x.load(), 1);
+        Checks.due("Root", x.count(1), 1);
+        Checks.due("Info", x.count(2), 6);
+        PaperHouse y = Checks.loads("no Info", Files.paged().table("/Root 1 0 R"), 1);
+        Files.info(y, 0, "");
+        y.more();
+        Checks.due("a new Info", Files.out(y).contains("<< /Size 5 /Root 1 0 R /Info 4 0 R /Prev "), true);
+    }
+
+    /** The number of a new row stream. */
+    private static void ownNumbers() {
+        own("", "", "5 1", 6);
+        own("t", "", "3 1 5 1", 6);
+        own("", "/X 5 0 R ", "5 2", 7);
+        own("t", "/X [ 5 0 R 6 3 R ] ", "3 1 5 3", 8);
+        own("c", "", "3 1 5 2", 7);
+        own("c", "/X 6 0 R ", "3 1 5 3", 8);
+        own("i", "", "5 2", 7);
+        own("i", "/X [ 5 0 R 7 0 R ] ", "5 4", 9);
+        for (int size = 198; size <= 200; size++) {
+            for (String named : new String[] {"", "/X 199 0 R "}) {
+                PaperHouse x = Checks.loads("Size " + size, rowFile(named).replace("/Size 5 ", "/Size " + size + " "), 1);
+                boolean fits = size == 198 || size == 199 && named.isEmpty();
+                x.whole();
+                Checks.due("more at " + size + named, x.more() > 0, fits);
+                Checks.due("outs at " + size + named, x.outs() > 0, fits);
+                if (fits) {
+                    Checks.due("Size in it", Files.out(x).contains("\n" + size + " 0 obj\n<< /Type /XRef /Size " + (size + 1) + " /W "), true);
+                    x.take();
+                    Checks.due("it loads", x.load(), 1);
+                    Checks.due("its Size", x.count(0), size + 1);
+                }
+            }
+        }
+    }
+
+    private static void own(String change, String entry, String index, int size) {
+        PaperHouse x = Checks.loads("own " + change, rowFile(entry), 1);
+        if (change.equals("t")) {
+            x.turn(0, 90);
+        } else if (change.equals("c")) {
+            Files.contents(x, 0, "S");
+        } else if (change.equals("i")) {
+            Files.info(x, 0, "t");
+        }
+        int changed = x.count(6);
+        int before = x.count(0);
+        x.more();
+        Checks.due("own " + change + entry, Files.out(x).contains("\n" + (size - 1) + " 0 obj\n<< /Type /XRef /Size " + size + " /W [ 1 4 2 ] /Index [ " + index
+                + " ] /Root 1 0 R "), true);
+        Checks.due("Size stays", x.count(0), before);
+        Checks.due("so does what is changed", x.count(6), changed);
+        Checks.due("its number stays free", x.go(size - 1), -1);
+        String once = Files.out(x);
+        x.more();
+        Checks.due("once more", Files.out(x), once);
+        x.take();
+        Checks.due("it loads", x.load(), 1);
+        Checks.due("two sections", x.count(3), 2);
+        Checks.due("its place", x.count(5), once.lastIndexOf("\n" + (size - 1) + " 0 obj\n") + 1);
+        Checks.due("the stream itself", x.go(size - 1), 9);
+    }
+
+    private static void generationsInRows() {
+        Files files = new Files().object(1, Files.CATALOG.replace("2 0 R", "2 772 R")).object(3, Files.PAGE.replace("2 0 R", "2 772 R"));
+        int two = files.length();
+        files.raw("2 772 obj " + Files.ONE_PAGE + " endobj ");
+        int begin = files.length();
+        StringBuilder rows = new StringBuilder();
+        for (int place : new int[] {files.placeOf(1), two, files.placeOf(3)}) {
+            rows.append((char) (place >> 8)).append((char) (place & 255)).append(place == two ? "\3\4" : "\0\0");
+        }
+        files.raw("4 0 obj << /Type /XRef /Size 5 /W [ 0 2 2 ] /Index [ 1 3 ] /Root 1 0 R /Length 12 >> stream\n" + rows + "\nendstream endobj ");
+        PaperHouse x = Checks.loads("generation 772", files.end(begin), 1);
+        x.delete(0);
+        x.more();
+        x.take();
+        Checks.due("it loads", x.load(), 0);
+        Checks.due("the row", Files.data(x, 5).substring(5, 7), "\3\4");
+        Checks.due("of the last", Files.data(x, 5).substring(12, 14), "\0\0");
+    }
+
+    /** Each way writes the same again, whatever was written or read between. */
+    private static void writtenAgain() {
+        PaperHouse x = Checks.loads("two streams", new Files().object(1, "<< /Type /Catalog /A 3 0 R /B 4 0 R /Pages 2 0 R >>").object(2, Files.NO_PAGES)
+                .stream(3, "", "abcdefabcdefghi").stream(4, "", "xabcdefghi, abcdefghi").object(5, "(x)").table("/Root 1 0 R"), 0);
+        String first = whole(x);
+        Checks.due("the second stream's code", first.contains(plainCode("xabcdefghi, abcdefghi")), true);
+        Checks.due("the first one's", first.contains(plainCode("abcdefabcdefghi")), true);
+        x.more();
+        String more = Files.out(x);
+        Checks.due("whole again", whole(x), first);
+        x.more();
+        Checks.due("more again", Files.out(x), more);
+        Files.info(x, 0, "t");
+        String titled = whole(x);
+        Checks.due("another one", titled.equals(first), false);
+        Files.load(x, "nothing");
+        Checks.due("whole without a document", x.whole(), -1);
+        Checks.due("the out is empty", x.outs(), 0);
+        Checks.due("more without a document", x.more(), -1);
     }
 }
