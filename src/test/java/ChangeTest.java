@@ -262,6 +262,19 @@ public final class ChangeTest {
         Checks.due("move", x.move(0, 1), 3);
         Checks.due("the node then", written(x, 2), "<< /Kids [ 9 0 R 3 0 R ] /Type /Pages /Count 2 >>");
         Checks.due("the page", written(x, 3), "<< /Type /Page /Parent 2 0 R /MediaBox [ 0 0 1 1 ] >>");
+        for (int k = 0; k <= 3; k++) {
+            PaperHouse y = Checks.loads("three kids elsewhere", new Files().object(1, Files.CATALOG).object(2, "<< /Type /Pages /Kids 6 0 R /Count 3 >>")
+                    .object(3, Files.PAGE).object(4, Files.PAGE).object(5, Files.PAGE).object(6, "[ 3 0 R 4 0 R 7 0 R ]").object(7, "5 0 R")
+                    .table("/Root 1 0 R"), 3);
+            StringBuilder want = new StringBuilder("3 0 R 4 0 R 7 0 R ");
+            Checks.due("insert " + k, y.insert(k, 1, 1), 8);
+            Checks.due("three and one", written(y, 2), "<< /Type /Pages /Kids [ " + want.insert(6 * k, "8 0 R ") + "] /Count 4 >>");
+            y.delete(3 - k);
+            want.delete(18 - 6 * k, 24 - 6 * k);
+            Checks.due("one taken out", written(y, 2), "<< /Type /Pages /Kids [ " + want + "] /Count 3 >>");
+            Checks.due("go", y.go(6), 6);
+            Checks.due("the array stays", y.here(2), 3);
+        }
     }
 
     private static void deepKids() {

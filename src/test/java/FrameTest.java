@@ -617,6 +617,22 @@ public final class FrameTest {
                 }
             }
         }
+        // The data are such as would do, if that were allowed.
+        StringBuilder two = new StringBuilder();
+        StringBuilder four = new StringBuilder();
+        StringBuilder five = new StringBuilder();
+        for (int n = 1; n <= 2; n++) {
+            String place = number(PLAIN.placeOf(n), 2);
+            two.append(number(1, 1)).append(place);
+            four.append(number(1, 1)).append(place).append(number(0, 4));
+            five.append(number(1, 5)).append(place).append(number(0, 1));
+        }
+        String tail = " /Index [ 1 2 ] /Size 5 /Root 1 0 R";
+        Checks.refuses("a width below 0", rows("/Type /XRef /W [ 1 2 -1 ]" + tail, two.toString()), 3, BEGIN);
+        Checks.refuses("a width of 5", rows("/Type /XRef /W [ 5 2 1 ]" + tail, five.toString()), 3, BEGIN);
+        Checks.refuses("a width that is a reference", rows("/Type /XRef /W [ 1 2 4 0 R ]" + tail, four.toString()), 3, BEGIN);
+        Checks.refuses("a width that is a truth", rows(TOLD.replace("[ 1 2 1 ]", "[ true 2 true ]"), DATA), 3, BEGIN);
+        Checks.refuses("widths below 0", rows(TOLD.replace("[ 1 2 1 ]", "[ -1 2 1 ]"), DATA.substring(0, 12)), 3, BEGIN);
         Checks.refuses("entries of no bytes", rows("/Type /XRef /W [ 0 0 0 ] /Index [ 2 1 ] /Size 3 /Root 1 0 R", ""), 6, 0);
         Checks.refuses("entries of no bytes, a byte left", rows("/Type /XRef /W [ 0 0 0 ] /Index [ 2 1 ] /Size 3", "x"), 3, BEGIN);
     }
@@ -642,6 +658,10 @@ public final class FrameTest {
             Checks.refuses("Index " + index, rows(TOLD + " /Index " + index, DATA), 5, BEGIN);
         }
         // A pair's entries ahead of it are wrong, or the array is, as a whole.
+        for (int more = 0; more < 4; more++) {
+            Checks.refuses("so many bytes of an entry ahead of a limit: " + more, rows(TOLD + " /Index [ 0 5 201 0 ]", DATA + "abc".substring(0, more % 4)),
+                    3, BEGIN);
+        }
         Checks.refuses("a kind ahead of a limit", rows(TOLD + " /Index [ 0 4 201 0 ]", DATA.replace(row(0, 0, 255), row(3, 0, 0))), 3, BEGIN);
         Checks.refuses("bytes lacking ahead of a limit", rows(TOLD + " /Index [ 0 5 201 0 ]", DATA), 3, BEGIN);
         Checks.refuses("a limit ahead of a kind", rows(TOLD + " /Index [ 0 3 201 0 3 1 ]", DATA.replace(row(1, BEGIN, 0), row(3, 0, 0))), 5, BEGIN);
@@ -689,6 +709,10 @@ public final class FrameTest {
         Checks.refuses("8 ahead of W and Index", rows(bad + " /Filter /FlateDecode", DATA), 8, BEGIN);
         Checks.refuses("W ahead of Encrypt", rows(bad, DATA), 3, BEGIN);
         Checks.refuses("Size without Index ahead of Encrypt", rows(TOLD.replace("/Size 4", "/Encrypt 1"), DATA), 3, BEGIN);
+        for (String size : new String[] {"", "/Size null ", "/Size -1 ", "/Size 0.0 ", "/Size 1 "}) {
+            Checks.refuses("no good Size ahead of Encrypt " + size, rows("/Type /XRef /W [ 1 2 1 ] /Encrypt 1 " + size, ""), 3, BEGIN);
+        }
+        Checks.refuses("Encrypt ahead of a Size of 0", rows("/Type /XRef /W [ 1 2 1 ] /Encrypt 1 /Size 0", ""), 9, BEGIN);
         Checks.refuses("the entries ahead of Encrypt", rows(TOLD + " /Encrypt 1", DATA.replace(row(0, 0, 255), row(3, 0, 0))), 3, BEGIN);
         Checks.refuses("Encrypt ahead of Size", rows(TOLD.replace("Size 4", "Size 2") + " /Index [ 0 4 ] /Encrypt 1", DATA), 9, BEGIN);
         Checks.refuses("XRefStm ahead of Prev", rows(TOLD + " /Prev -1 /XRefStm null", DATA), 9, BEGIN);

@@ -38,6 +38,7 @@ public final class ShowTest {
         remarksAndWhite();
         severalStreams();
         shownAgain();
+        shownOften();
         Checks.end();
     }
 
@@ -642,6 +643,8 @@ public final class ShowTest {
         glyph("@ and D have none", y, 1, 'A', 0, 0, 10, 4);
         glyph("A has one", y, 2, 'D', 5, 0, 10, 4);
         glyph("C has 1000", y, 4, '@', 15, 0, 10, 4);
+        PaperHouse large = shows("/F 32767 Tf BT (@D@D@) Tj ET", 5);
+        Checks.due("none at all", large.glyph(4, 1), 0);
         PaperHouse row = Checks.loads("rows", new Files().object(1, Files.CATALOG).object(2, Files.ONE_PAGE)
                 .object(3, "<< /Type /Page /Parent 2 0 R /MediaBox [ 0 0 10 20 ] /Resources << /Font << /F 6 0 R >> >> >>")
                 .object(4, "<< /Type 7 0 R /FirstChar 8 0 R /LastChar 9 0 R /Widths 10 0 R >>").object(6, "5 0 R").object(5, "4 0 R")
@@ -669,6 +672,14 @@ public final class ShowTest {
             // Each product by itself: two halves make a whole unit more.
             units("/F 0 Tf .5 .5 .5 .5 0 0 cm BT " + far + " " + far + " Td (A) Tj ET", 0, 2 * half, 2 * half);
         }
+        // 32767 units times one are less than half of one, as are 102721 times 319 of 65536000.
+        units("/F 0 Tf .499985 0 0 .499985 0 0 cm BT " + unit + " -" + unit + " Td (A) Tj ET", 0, 0, 0);
+        units("/F 0 Tf .500016 0 0 .500016 0 0 cm BT " + unit + " -" + unit + " Td (A) Tj ET", 0, 1, -1);
+        PaperHouse less = house("<< /Type /Font /FirstChar 65 /LastChar 65 /Widths [ 1.567398071 ] >>");
+        Files.contents(less, 0, "/F .004867554 Tf BT (AA) Tj ET");
+        Checks.due("less than half of one", less.show(0), 2);
+        Checks.due("the size", less.glyph(1, 3), 319);
+        Checks.due("is none", less.glyph(1, 1), 0);
         Checks.due("one unit", shows("/F " + unit + " Tf BT (A) Tj ET", 1).glyph(0, 3), 1);
         // The width 500 of a size of one unit is half a unit; of minus one unit, too.
         units("/F " + unit + " Tf BT (AA) Tj ET", 1, 1, 0);
@@ -822,6 +833,28 @@ public final class ShowTest {
         Checks.due("full contents: bytes", full.page(0, 6), 40000);
         Checks.due("full contents: show", full.show(0), -111);
         Checks.due("full contents: place", full.fault(3), 39998);
+    }
+
+    /** Contents of many thousand objects, and pages shown many times, with operands that wait at the end. */
+    private static void shownOften() {
+        String zeros = "[" + "0 ".repeat(3990) + "]0 d ";
+        String file = new Files().object(1, Files.CATALOG).object(2, Files.ONE_PAGE)
+                .object(3, "<< /Type /Page /Parent 2 0 R /MediaBox [ 0 0 10 20 ] /Contents [ 4 0 R 4 0 R 4 0 R 4 0 R 5 0 R ] >>")
+                .stream(4, "/Filter /FlateDecode", Files.deflated(zeros))
+                .stream(5, "/Filter /FlateDecode", Files.deflated("[" + "(x)".repeat(1300) + "/A ".repeat(1300) + "]")).table("/Root 1 0 R");
+        PaperHouse x = Checks.loads("many objects", file, 1);
+        for (int i = 0; i < 12; i++) {
+            Checks.due("shown " + i, x.show(0), 0);
+            Checks.due("turned " + i, x.turn(0, 90 * (i % 4)), true);
+        }
+        for (int i = 0; i < 12; i++) {
+            Files.load(x, file);
+            Checks.due("loaded and shown " + i, x.show(0), 0);
+        }
+        Checks.due("insert", x.insert(0, 1, 1), 6);
+        x.whole();
+        x.take();
+        Checks.due("it loads", x.load(), 2);
     }
 
     /** What one page left open has no part in the next one; the glyphs are those of the page shown last. */

@@ -28,6 +28,7 @@ public final class StreamTest {
         byRisingNumbers();
         bodies();
         lengthsElsewhere();
+        afterARefusal();
         parmsAtTheirEdges();
         parmsOfMany();
         filterNames();
@@ -39,6 +40,8 @@ public final class StreamTest {
         dynamicCounts();
         dynamicCodes();
         dynamicRepeats();
+        dynamicSizes();
+        dynamicTwice();
         rowsOfBytes();
         predictorRows();
         streamsInside();
@@ -544,6 +547,15 @@ public final class StreamTest {
             "3 0 objx", "3 0 Obj", "3 obj", "3 0", "99999999999 0 obj", "3 99999999999 obj", "(3) 0 obj", "/3 0 obj", "3 0 R", "] 3 0 obj", "x"}) {
             Checks.refuses("head " + head, Files.empty().raw(head + "\nnull endobj ").at(3, PLACE).table("/Root 1 0 R"), 6, PLACE);
         }
+        Files greatest = Files.empty().raw("3 2147483647 obj null endobj ");
+        int begun = greatest.length();
+        StringBuilder rows = new StringBuilder();
+        for (int n = 1; n <= 3; n++) {
+            int place = n == 3 ? PLACE : greatest.placeOf(n);
+            rows.append((char) (place >> 8)).append((char) (place & 255)).append(n == 3 ? "\u007f\u00ff\u00ff\u00ff" : "\0\0\0\0");
+        }
+        greatest.raw("9 0 obj << /Type /XRef /Size 4 /W [ 0 2 4 ] /Index [ 1 3 ] /Root 1 0 R /Length 18 >> stream\n" + rows + "\nendstream endobj ");
+        Checks.due("generation 2147483647", Checks.loads("generation 2147483647", greatest.end(begun), 0).go(3), 0);
         for (String tail : new String[] {"endobj", "%\nendobj(", "\0endobj<"}) {
             Checks.loads("tail " + tail, Files.empty().raw("3 0 obj null " + tail + "\n").at(3, PLACE).table("/Root 1 0 R"), 0);
         }
@@ -595,6 +607,12 @@ public final class StreamTest {
         for (String length : new String[] {"1", "3", "-1", "-2147483648", "2147483647", "7999", "2.0", "(2)", "/A", "null", "[ 2 ]", "true"}) {
             wrong("Length " + length, "<< /Length " + length + " >> stream\nabendstream", 6);
         }
+        wrong("no Length of nothing", "<< >> stream\nendstream", 6);
+        for (String length : new String[] {"null", "false", "true", "0.0", "()", "/", "[ ]", "<< >>"}) {
+            wrong("Length " + length + " of nothing", "<< /Length " + length + " >> stream\nendstream", 6);
+            wrong("Length " + length + " of a byte", "<< /Length " + length + " >> stream\nxendstream", 6);
+            length("of an object " + length, "5 0 R", length, 6, false);
+        }
         PaperHouse none = Checks.loads("Length 0", file("<< /Length 0 >> stream\nendstream"), 0);
         Checks.due("Length 0: size", none.size(3), 0);
         Checks.due("Length 0: data", none.data(3, 0), -1);
@@ -629,6 +647,20 @@ public final class StreamTest {
         Files later = Files.empty().object(3, "3").object(4, "<< /Length 3 1 R >> stream\nabc\nendstream");
         int other = later.placeOf(4);
         Checks.refuses("a length read already, of another generation", later.table("/Root 1 0 R"), 6, other);
+    }
+
+    /** What waited when a file was refused has no part in the next one; nor have its objects. */
+    private static void afterARefusal() {
+        PaperHouse x = new PaperHouse();
+        String waits = Files.empty().object(3, "<< /Length 4 0 R >> stream\nabc\nendstream").object(4, "x").table("/Root 1 0 R");
+        String good = Files.empty().object(3, "[" + Files.repeat("1 ", 3000) + "]").table("/Root 1 0 R");
+        for (int i = 0; i < 12; i++) {
+            Checks.due("a stream waits", Files.load(x, waits), -104);
+            Checks.due("a good file", Files.load(x, good), 0);
+            Checks.due("objects", x.objects(), 3);
+            x.go(3);
+            Checks.due("parts", x.here(2), 3000);
+        }
     }
 
     private static void parms(String parms, boolean good, boolean predicts) {
@@ -939,8 +971,65 @@ public final class StreamTest {
         flated("repeats of all lengths", true, sized(257, 1, "101", "1").code(0, 1).code(1, 1), "a");
     }
 
+    /** Sizes of all kinds, 1 to 15: fifteen letters and 256. */
+    private static void dynamicSizes() {
+        Bits bits = block(257, 1, "4444444444444445005");
+        bits.code(0, 4).code(1, 4);
+        for (int size = 2; size <= 14; size++) {
+            bits.code(size, 4);
+        }
+        bits.code(30, 5);
+        // Zeros from 16 to 255, told by 18 twice.
+        bits.code(31, 5).add(127, 7).code(31, 5).add(240 - 138 - 11, 7);
+        bits.code(30, 5).code(0, 4);
+        StringBuilder text = new StringBuilder();
+        for (int size = 1; size <= 15; size++) {
+            text.append((char) size);
+            bits.code((1 << size) - 2, size);
+        }
+        decodes("sizes of all kinds", "/Filter /FlateDecode", bits.code(32767, 15).zlib(text.toString()), text.toString());
+    }
+
+    /** A second block whose sizes of sizes are fewer has no part in those of the first. */
+    private static void dynamicTwice() {
+        Bits bits = new Bits().add(0, 1).add(2, 2).add(0, 5).add(0, 5).add(15, 4);
+        int[] order = {16, 17, 18, 0, 8, 7, 9, 6, 10, 5, 11, 4, 12, 3, 13, 2, 14, 1, 15};
+        for (int symbol : order) {
+            bits.add(SIZES.charAt(symbol) - '0', 3);
+        }
+        zeros(bits, 15).code(1, 4);
+        zeros(bits, 240).code(1, 4).code(0, 4).code(0, 1).code(1, 1);
+        bits.add(1, 1).add(2, 2).add(0, 5).add(0, 5).add(14, 4);
+        for (int i = 0; i < 18; i++) {
+            bits.add(SIZES.charAt(order[i]) - '0', 3);
+        }
+        zeros(bits, 97).code(1, 4);
+        zeros(bits, 256 - 98).code(1, 4).code(0, 4).code(0, 1).code(1, 1);
+        decodes("two blocks of their own", "/Filter /FlateDecode", bits.zlib("\u000fa"), "\u000fa");
+    }
+
     private static void rowsOfBytes() {
         String head = "/Filter /FlateDecode";
+        for (int distance = 1; distance <= 32; distance++) {
+            int kind = 0;
+            int base = 1;
+            int more = 0;
+            while (distance >= base + (1 << more)) {
+                base += 1 << more;
+                kind++;
+                more = Math.max(0, kind / 2 - 1);
+            }
+            Bits near = new Bits().add(1, 1).add(1, 2);
+            String text = "abcdefghijklmnopqrstuvwxyzABCDEF".substring(0, distance);
+            for (char c : text.toCharArray()) {
+                near.code(48 + c, 8);
+            }
+            StringBuilder want = new StringBuilder(text);
+            for (int i = 0; i < 3; i++) {
+                want.append(want.charAt(want.length() - distance));
+            }
+            decodes("distance " + distance, head, near.code(1, 7).code(kind, 5).add(distance - base, more).code(0, 7).zlib(want.toString()), want.toString());
+        }
         Bits all = new Bits().add(1, 1).add(1, 2).code(48 + 'a', 8).code(48 + 'b', 8).code(1, 7).code(1, 5).code(0, 7);
         decodes("a distance of all that came", head, all.zlib("ababa"), "ababa");
         flateBad("one more", new Bits().add(1, 1).add(1, 2).code(48 + 'a', 8).code(48 + 'b', 8).code(1, 7).code(2, 5).code(0, 7).zlib("ababa"));
@@ -983,6 +1072,9 @@ public final class StreamTest {
                 wrong("rows of " + length, stream(head, Files.deflated(rows)), 8);
             }
         }
+        // Corner 100, above 110, left 80: left and the corner are as near; left goes ahead.
+        decodes("Paeth of as near ones", "/Filter /FlateDecode /DecodeParms << /Predictor 14 /Columns 2 >>",
+                Files.deflated("\0\144\156\4\u00ec\0"), "\144\156\120\120");
         decodes("sums of eight bits", head, Files.deflated("\0\u00ff\u00ff\u00ff\1\u00ff\u00ff\2\2\3\3\3\3\u00ff\u00ff\u00ff\4\u00ff\1\1"),
                 "\u00ff\u00ff\u00ff" + "\u00ff\u00fe\0" + "\2\1\3" + "\0\u00ff\u0080" + "\u00ff\0\1");
     }

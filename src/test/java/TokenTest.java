@@ -18,6 +18,7 @@ public final class TokenTest {
         whiteAndDelimiters();
         bytesOfNames();
         bytesOfStrings();
+        zerosOfStrings();
         escapes();
         edgesOfNumbers();
         edgesOfTexts();
@@ -453,6 +454,16 @@ public final class TokenTest {
         }
     }
 
+    /** Digits that are 0 count like all others. */
+    private static void zerosOfStrings() {
+        letters("<0>", 5, "\0");
+        letters("<00>", 5, "\0");
+        letters("<000>", 5, "\0\0");
+        letters("<0 1 02>", 5, "\1\2");
+        letters("<0010F00f>", 5, "\0\u0010\u00f0\u000f");
+        letters("<410>", 5, "A\0");
+    }
+
     private static void escapes() {
         String known = "nrtbf()\\";
         for (int c = 0; c < 256; c++) {
@@ -550,6 +561,10 @@ public final class TokenTest {
         }
         for (String key : new String[] {"2147483648", "-2147483649", "32768.0", "1.0000000000", "99999999999999999999"}) {
             wrong("<< " + key + " /A >>", 5, 3);
+        }
+        for (String word : new String[] {"99999999999x", "1.0000000000x", "--99999999999", "1.2.99999999999"}) {
+            wrong("<< " + word + " /A >>", 4, 3);
+            wrong("[ " + word + " ]", 4, 2);
         }
         wrong("<< (" + Files.repeat("x", 2000) + ") /A >>", 4, 3);
         wrong("<< (" + Files.repeat("x", 2001) + " /A >>", 4, 3);

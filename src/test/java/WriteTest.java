@@ -23,6 +23,7 @@ public final class WriteTest {
         rowsOfAllLengths();
         whatIsNull();
         onceEach();
+        wholeOfAll();
         wholeOfGenerations();
         theOutIsFull();
         theTapeIsFull();
@@ -554,6 +555,35 @@ public final class WriteTest {
         }
         Checks.due("the table and what is behind", all.substring(body.length()), table + "trailer\n<< /Size 7 /Root 1 0 R /Info 2 0 R >>\nstartxref\n"
                 + body.length() + "\n%%EOF\n");
+    }
+
+    /** All of 199 objects are met: 2 in the root's entries, the others in an array of references. */
+    private static void wholeOfAll() {
+        StringBuilder pairs = new StringBuilder();
+        StringBuilder all = new StringBuilder();
+        StringBuilder references = new StringBuilder();
+        for (int n = 5; n < 200; n++) {
+            pairs.append(n).append(' ').append(all.length()).append(' ');
+            all.append(n).append(' ');
+            references.append(n).append(" 0 R ");
+        }
+        Files files = new Files().object(1, "<< /Type /Catalog /Pages 2 0 R /A [ 3 0 R 4 0 R " + references + "] >>").object(2, Files.NO_PAGES)
+                .stream(3, "/Type /ObjStm /N 195 /First " + pairs.length() + " /Filter /FlateDecode", Files.deflated(pairs.toString() + all));
+        int begin = files.length();
+        StringBuilder rows = new StringBuilder();
+        for (int n = 1; n < 200; n++) {
+            int place = n < 4 ? files.placeOf(n) : n == 4 ? begin : 3;
+            rows.append((char) (n < 5 ? 1 : 2)).append((char) (place >> 8)).append((char) (place & 255)).append((char) (n < 5 ? 0 : n - 5));
+        }
+        String flate = Files.deflated(rows.toString());
+        files.raw("4 0 obj << /Type /XRef /Size 200 /W [ 1 2 1 ] /Index [ 1 199 ] /Root 1 0 R /Filter /FlateDecode /Length " + flate.length()
+                + " >> stream\n" + flate + "\nendstream endobj ");
+        PaperHouse x = Checks.loads("199 objects", files.end(begin), 0);
+        Checks.due("objects", x.objects(), 199);
+        String whole = whole(x);
+        Checks.due("the last one", whole.contains("\n199 0 obj\n199\nendobj\nxref\n0 200\n"), true);
+        Checks.due("its entry", whole.contains(String.format("\n%010d 00000 n \ntrailer\n<< /Size 200 /Root 1 0 R >>\n", whole.indexOf("\n199 0 obj\n") + 1)), true);
+        Checks.due("more has no number left", x.more(), -1);
     }
 
     private static void wholeOfGenerations() {
