@@ -25,6 +25,8 @@ public final class ChangeTest {
         countsAbove();
         takenOver();
         numbersOfNewOnes();
+        newOnesAreOfGeneration0();
+        manyChanges();
         fullOfNumbers();
         fullOfPages();
         insideAStream();
@@ -501,6 +503,20 @@ public final class ChangeTest {
         x.up();
         x.down(1);
         Checks.due("no bytes", x.here(2), 0);
+        PaperHouse four = Checks.loads("two pages", twoPages(), 2);
+        for (int round = 0; round < 2; round++) {
+            for (int which = 0; which < 4; which++) {
+                Files.info(four, which, Files.noise(2000, which + 4 * round));
+            }
+            for (int which = 0; which < 4; which++) {
+                four.go(5);
+                four.down(which);
+                Checks.due("all four at once " + which, Files.letters(four, false), Files.noise(2000, which + 4 * round));
+            }
+            Checks.due("the names that were read stay", written(four, 5).startsWith("<< /Title <"), true);
+            four.whole();
+            Checks.due("in other objects, too", Files.out(four).startsWith("%PDF-1.7\n1 0 obj\n<< /Type /Catalog /Pages 3 0 R >>\nendobj\n"), true);
+        }
         PaperHouse full = Checks.loads("Info there, Size 200", Files.paged().object(4, "<< /A 1 >>").table("/Info 4 0 R /Root 1 0 R", 200), 1);
         Checks.due("no new number is needed", Files.info(full, 2, "s"), 4);
         Checks.due("it comes last", written(full, 4), "<< /A 1 /Subject (s) >>");
@@ -678,6 +694,61 @@ public final class ChangeTest {
         Checks.due("then 6", x.insert(0, 1, 1), 6);
     }
 
+    /** A number that an elder section told of is new with generation 0. */
+    private static void newOnesAreOfGeneration0() {
+        Files files = Files.paged();
+        int three = files.length();
+        files.raw("5 3 obj (x) endobj ");
+        int elder = files.length();
+        files.raw(String.format("xref\n1 5\n%010d 00000 n \n%010d 00000 n \n%010d 00000 n \n0000000000 00004 f \n%010d 00003 n \n"
+                + "trailer << /Size 6 /Root 1 0 R >>\n", files.placeOf(1), files.placeOf(2), files.placeOf(3), three));
+        int newest = files.length();
+        files.raw("xref\n0 0\ntrailer << /Size 4 /Root 1 0 R /Prev " + elder + " >>\n");
+        PaperHouse x = Checks.loads("elder generations", files.end(newest), 1);
+        Checks.due("4 is new", x.insert(0, 1, 1), 4);
+        Checks.due("5 is new", x.insert(0, 1, 1), 5);
+        x.more();
+        Checks.due("4 and 5 of generation 0", Files.out(x).contains("\n4 0 obj\n") && Files.out(x).contains("\n5 0 obj\n"), true);
+        Checks.due("so are references", Files.out(x).contains("/Kids [ 5 0 R 4 0 R 3 0 R ]"), true);
+        x.take();
+        Checks.due("it loads", x.load(), 3);
+    }
+
+    /** A document of almost 6000 objects has room for all changes that some hundred calls can make. */
+    private static void manyChanges() {
+        Files files = new Files().object(1, Files.CATALOG).object(2, "<< /Type /Pages /Kids 5 0 R /Count 2 /Rotate 90 /Resources << /A [ 1 2 ] >> >>")
+                .object(3, Files.PAGE).object(4, Files.PAGE).object(5, "[ 3 0 R 4 0 R ]")
+                .stream(6, "/Filter /FlateDecode /Type /ObjStm /N 1 /First 4", Files.deflated("7 0 [" + Files.repeat("0 ", 3980) + "]"))
+                .stream(8, "/Filter /FlateDecode /Type /ObjStm /N 1 /First 4", Files.deflated("9 0 [" + Files.repeat("0 ", 1850) + "]"));
+        int begin = files.length();
+        StringBuilder rows = new StringBuilder();
+        for (int n = 1; n <= 9; n++) {
+            int place = n == 7 ? 6 : n == 9 ? 8 : files.placeOf(n);
+            rows.append(n == 7 || n == 9 ? '\2' : '\1').append((char) (place >> 8)).append((char) (place & 255)).append('\0');
+        }
+        files.raw("10 0 obj << /Type /XRef /Size 11 /W [ 1 2 1 ] /Index [ 1 9 ] /Root 1 0 R /Length 36 >> stream\n" + rows + "\nendstream endobj ");
+        PaperHouse x = Checks.loads("many objects", files.end(begin), 2);
+        for (int i = 0; i < 58; i++) {
+            Checks.due("insert " + i, x.insert(i, 5, 5), 11 + i);
+        }
+        for (int i = 0; i < 300; i++) {
+            Checks.due("move " + i, x.move(i * 7 % 60, i * 11 % 60) > 0, true);
+        }
+        for (int i = 0; i < 60; i++) {
+            Checks.due("turn " + i, x.turn(i, 180), true);
+        }
+        for (int i = 0; i < 60; i++) {
+            Checks.due("contents " + i, Files.contents(x, i, "S") > 0, true);
+        }
+        for (int i = 0; i < 20; i++) {
+            Checks.due("info " + i, Files.info(x, i % 4, "t") > 0, true);
+        }
+        Checks.due("shown", x.show(30), 0);
+        for (int i = 59; i >= 0; i--) {
+            Checks.due("delete " + i, x.delete(i), i);
+        }
+    }
+
     private static void fullOfNumbers() {
         PaperHouse x = Checks.loads("Size 199, and 199 named", Files.paged().object(4, "199 0 R").table("/Root 1 0 R", 199), 1);
         Checks.due("insert", x.insert(0, 1, 1), -1);
@@ -787,7 +858,9 @@ public final class ChangeTest {
         Checks.due("objects", x.objects(), 3);
         Checks.due("Rotate", x.page(0, 5), 0);
         Checks.due("bytes", x.page(0, 6), 0);
-        Checks.due("numbers are named anew", x.insert(0, 1, 1), 4);
+        for (int n = 4; n < 9; n++) {
+            Checks.due("numbers are named anew", x.insert(0, 1, 1), n);
+        }
         for (int i = 0; i < 6; i++) {
             Files.load(x, Files.paged().table("/Root 1 0 R"));
             Checks.due("bytes are counted anew", Files.contents(x, 0, Files.repeat("x", 8000)), 4);

@@ -29,6 +29,7 @@ public final class StreamTest {
         bodies();
         lengthsElsewhere();
         afterARefusal();
+        readAgain();
         parmsAtTheirEdges();
         parmsOfMany();
         filterNames();
@@ -660,6 +661,34 @@ public final class StreamTest {
             Checks.due("objects", x.objects(), 3);
             x.go(3);
             Checks.due("parts", x.here(2), 3000);
+        }
+    }
+
+    /** A house reads file after file; the bytes of texts, of streams, and the objects count anew each time. */
+    private static void readAgain() {
+        StringBuilder pairs = new StringBuilder();
+        for (int n = 4; n < 32; n++) {
+            pairs.append(n).append(" 0 ");
+        }
+        String string = "(" + Files.repeat("x", 2000) + ")";
+        Files files = Files.empty().stream(3, "/Type /ObjStm /N 28 /First " + pairs.length() + " /Filter /FlateDecode", Files.deflated(pairs + string));
+        files.stream(32, "/Filter /FlateDecode", Files.deflated(Files.repeat("a", 8000)));
+        int begin = files.length();
+        StringBuilder rows = new StringBuilder();
+        for (int n = 1; n <= 32; n++) {
+            boolean inside = n > 3 && n < 32;
+            int place = inside ? 3 : files.placeOf(n);
+            rows.append((char) (inside ? 2 : 1)).append((char) (place >> 8)).append((char) (place & 255)).append((char) (inside ? n - 4 : 0));
+        }
+        files.raw("99 0 obj << /Type /XRef /Size 33 /W [ 1 2 1 ] /Index [ 1 32 ] /Root 1 0 R /Length 128 >> stream\n" + rows + "\nendstream endobj ");
+        String file = files.end(begin);
+        PaperHouse x = new PaperHouse();
+        for (int i = 0; i < 12; i++) {
+            Checks.due("load " + i, Files.load(x, file), 0);
+            Checks.due("objects " + i, x.objects(), 32);
+            x.go(31);
+            Checks.due("bytes of the last string " + i, x.here(2), 2000);
+            Checks.due("bytes of the last stream " + i, x.size(32), 8000);
         }
     }
 
