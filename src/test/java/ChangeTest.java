@@ -35,12 +35,12 @@ public final class ChangeTest {
         Checks.end();
     }
 
-    private static PaperHouse paged() {
+    private static House paged() {
         return Checks.loads("one page", Files.paged().table("/Root 1 0 R"), 1);
     }
 
     /** How object n would be written, told by what MORE puts behind the file. */
-    static String written(PaperHouse x, int n) {
+    static String written(House x, int n) {
         x.more();
         String all = "\n" + Files.out(x);
         int at = all.lastIndexOf("\n" + n + " 0 obj\n");
@@ -51,7 +51,7 @@ public final class ChangeTest {
         return begun.substring(0, begun.indexOf("\nendobj"));
     }
 
-    private static String pages(PaperHouse x) {
+    private static String pages(House x) {
         StringBuilder all = new StringBuilder();
         for (int k = 0; k < x.pages(); k++) {
             all.append(x.page(k, 0)).append(' ');
@@ -60,7 +60,7 @@ public final class ChangeTest {
     }
 
     private static void inserts() {
-        PaperHouse x = paged();
+        House x = paged();
         Checks.due("insert ahead", x.insert(0, 1, 2), 4);
         Checks.due("insert behind", x.insert(2, 14400, 14400), 5);
         Checks.due("insert between", x.insert(1, 3, 4), 6);
@@ -72,14 +72,14 @@ public final class ChangeTest {
         Checks.due("objects", x.objects(), 6);
         Checks.due("the new page", written(x, 6), "<< /Type /Page /Parent 2 0 R /MediaBox [ 0 0 3 4 ] >>");
         Checks.due("the node", written(x, 2), "<< /Type /Pages /Kids [ 4 0 R 6 0 R 3 0 R 5 0 R ] /Count 4 >>");
-        PaperHouse empty = Checks.loads("no pages", Files.empty().table("/Root 1 0 R"), 0);
+        House empty = Checks.loads("no pages", Files.empty().table("/Root 1 0 R"), 0);
         Checks.due("insert into none", empty.insert(0, 5, 6), 3);
         Checks.due("the page there", empty.page(0, 3), 5 * 65536);
         Checks.due("its node", written(empty, 2), "<< /Type /Pages /Kids [ 3 0 R ] /Count 1 >>");
     }
 
     private static void insertsRefused() {
-        PaperHouse x = paged();
+        House x = paged();
         Checks.due("k below", x.insert(-1, 1, 1), -1);
         Checks.due("k beyond", x.insert(2, 1, 1), -1);
         Checks.due("w 0", x.insert(0, 0, 1), -1);
@@ -92,7 +92,7 @@ public final class ChangeTest {
         }
         Checks.due("61 pages", x.insert(0, 1, 1), -1);
         Checks.due("60 pages", x.pages(), 60);
-        PaperHouse full = Checks.loads("Size 199", Files.paged().table("/Root 1 0 R", 199), 1);
+        House full = Checks.loads("Size 199", Files.paged().table("/Root 1 0 R", 199), 1);
         Checks.due("object 199", full.insert(0, 1, 1), 199);
         Checks.due("Size is 200", full.count(0), 200);
         Checks.due("Size would be 201", full.insert(0, 1, 1), -1);
@@ -101,7 +101,7 @@ public final class ChangeTest {
     }
 
     private static void deletes() {
-        PaperHouse x = paged();
+        House x = paged();
         Checks.due("none such", x.delete(1), -1);
         Checks.due("none such below", x.delete(-1), -1);
         x.insert(1, 1, 1);
@@ -116,7 +116,7 @@ public final class ChangeTest {
         Checks.due("the node has it", written(x, 2), "<< /Type /Pages /Kids [ 5 0 R ] /Count 1 >>");
     }
 
-    private static PaperHouse two() {
+    private static House two() {
         return Checks.loads("two nodes", new Files().object(1, Files.CATALOG)
                 .object(2, "<< /Type /Pages /Kids [ 3 0 R 4 0 R ] /Count 4 /MediaBox [ 0 0 9 9 ] /Rotate 90 >>")
                 .object(3, "<< /Type /Pages /Parent 2 0 R /Kids [ 5 0 R 6 0 R ] /Count 2 /Resources << /A [ 1 ] >> /Rotate 8 0 R >>")
@@ -128,7 +128,7 @@ public final class ChangeTest {
     }
 
     private static void moves() {
-        PaperHouse x = two();
+        House x = two();
         Checks.due("none such", x.move(4, 0), -1);
         Checks.due("to below", x.move(0, -1), -1);
         Checks.due("to beyond", x.move(0, 4), -1);
@@ -144,14 +144,14 @@ public final class ChangeTest {
         Checks.due("a node of none", written(x, 3), "<< /Type /Pages /Parent 2 0 R /Kids [ ] /Count 0 /Resources << /A [ 1 ] >> /Rotate 8 0 R >>");
         Checks.due("move nowhere else", x.move(1, 1), 5);
         Checks.due("pages still", pages(x), "7 5 9 6 ");
-        PaperHouse one = paged();
+        House one = paged();
         Checks.due("the only page", one.move(0, 0), 3);
         Checks.due("it is there", pages(one), "3 ");
         Checks.due("it is changed", one.count(6), 2);
     }
 
     private static void takesOver() {
-        PaperHouse x = two();
+        House x = two();
         x.move(0, 3);
         Checks.due("of two above", written(x, 5),
                 "<< /Type /Page /Parent 4 0 R /MediaBox [ 0 0 9 9 ] /Resources << /A [ 1 ] >> /Rotate 8 0 R >>");
@@ -168,7 +168,7 @@ public final class ChangeTest {
     }
 
     private static void turns() {
-        PaperHouse x = two();
+        House x = two();
         Checks.due("none such", x.turn(4, 90), false);
         Checks.due("45", x.turn(0, 45), false);
         Checks.due("450", x.turn(0, 450), false);
@@ -186,7 +186,7 @@ public final class ChangeTest {
     }
 
     private static void contents() {
-        PaperHouse x = paged();
+        House x = paged();
         Checks.due("none such", Files.contents(x, 1, "x"), -1);
         Checks.due("contents", Files.contents(x, 0, "1 2 m"), 4);
         Checks.due("bytes", x.page(0, 6), 5);
@@ -197,17 +197,15 @@ public final class ChangeTest {
         Checks.due("empty contents", Files.contents(x, 0, ""), 5);
         Checks.due("their bytes", x.size(5), 0);
         Checks.due("changed", x.count(6), 3);
-        for (int i = 0; i < 4; i++) {
-            Checks.due("8000 more", Files.contents(x, 0, Files.repeat("x", 8000)), 6 + i);
-        }
-        Checks.due("too many together", Files.contents(x, 0, Files.repeat("x", 7996)), -1);
-        Checks.due("just 40000", Files.contents(x, 0, Files.repeat("x", 7995)), 10);
-        Checks.due("none more", Files.contents(x, 0, "x"), -1);
-        Checks.due("but empty ones", Files.contents(x, 0, ""), 11);
+        House many = Checks.loads("39000 bytes", Files.streamed(39000), 1);
+        Checks.due("too many together", Files.contents(many, 0, Files.repeat("x", 1001)), -1);
+        Checks.due("just 40000", Files.contents(many, 0, Files.repeat("x", 1000)), 9);
+        Checks.due("none more", Files.contents(many, 0, "x"), -1);
+        Checks.due("but empty ones", Files.contents(many, 0, ""), 10);
     }
 
     private static void infos() {
-        PaperHouse x = paged();
+        House x = paged();
         Checks.due("no Info", x.count(2), 0);
         Checks.due("another number", Files.info(x, 4, "x"), -1);
         Checks.due("below", Files.info(x, -1, "x"), -1);
@@ -221,18 +219,18 @@ public final class ChangeTest {
         Checks.due("Keywords", Files.info(x, 3, ""), 4);
         Checks.due("Info", written(x, 4), "<< /Subject <73286229> /Title (short) /Author <FF> /Keywords () >>");
         Checks.due("one changed", x.count(6), 1);
-        PaperHouse y = Checks.loads("Info", Files.paged().object(4, "<< /Title 5 0 R /X 1 >>").object(5, "(old)")
+        House y = Checks.loads("Info", Files.paged().object(4, "<< /Title 5 0 R /X 1 >>").object(5, "(old)")
                 .table("/Root 1 0 R /Info 4 0 R"), 1);
         Checks.due("Title there", Files.info(y, 0, "new"), 4);
         Checks.due("Info then", written(y, 4), "<< /Title (new) /X 1 >>");
         Checks.due("it is changed", y.count(6), 1);
-        PaperHouse z = Checks.loads("Info is Root", Files.paged().table("/Root 1 0 R /Info 1 0 R"), 1);
+        House z = Checks.loads("Info is Root", Files.paged().table("/Root 1 0 R /Info 1 0 R"), 1);
         Checks.due("Author of Root", Files.info(z, 1, "me"), 1);
         Checks.due("Root then", written(z, 1), "<< /Type /Catalog /Pages 2 0 R /Author (me) >>");
     }
 
     private static void newNumbers() {
-        PaperHouse x = Checks.loads("named numbers", Files.paged().object(4, "[ 6 7 R << /A 8 0 R >> ]")
+        House x = Checks.loads("named numbers", Files.paged().object(4, "[ 6 7 R << /A 8 0 R >> ]")
                 .stream(5, "/B 10 0 R", "").table("/Root 1 0 R /X [ 9 3 R ]"), 1);
         Checks.due("7", x.insert(0, 1, 1), 7);
         Checks.due("objects", x.objects(), 6);
@@ -244,7 +242,7 @@ public final class ChangeTest {
         int first = elder.section("/Size 5 /Root 1 0 R /X 6 0 R");
         elder.raw("xref\n4 1\n0000000000 65535 f \ntrailer << /Size 5 /Root 1 0 R /Prev " + first + " >>\n");
         int newest = elder.length() - ("xref\n4 1\n0000000000 65535 f \ntrailer << /Size 5 /Root 1 0 R /Prev " + first + " >>\n").length();
-        PaperHouse y = Checks.loads("an elder trailer", elder.end(newest), 1);
+        House y = Checks.loads("an elder trailer", elder.end(newest), 1);
         Checks.due("neither of a free object nor of an elder trailer", y.insert(0, 1, 1), 5);
         Checks.due("nor then", y.insert(0, 1, 1), 6);
     }
@@ -253,7 +251,7 @@ public final class ChangeTest {
         Files files = new Files().object(1, Files.CATALOG).object(2, "<< /Kids 4 0 R /Type /Pages /Count 6 0 R >>")
                 .object(3, "<< /Type /Page /Parent 7 0 R /MediaBox [ 0 0 1 1 ] >>").object(4, "5 0 R").object(5, "[ 8 0 R ]")
                 .object(6, "1").object(7, "2 0 R").object(8, "3 0 R");
-        PaperHouse x = Checks.loads("kids elsewhere", files.table("/Root 1 0 R"), 1);
+        House x = Checks.loads("kids elsewhere", files.table("/Root 1 0 R"), 1);
         Checks.due("insert", x.insert(1, 1, 1), 9);
         Checks.due("the node", written(x, 2), "<< /Kids [ 8 0 R 9 0 R ] /Type /Pages /Count 2 >>");
         x.go(5);
@@ -265,7 +263,7 @@ public final class ChangeTest {
         Checks.due("the node then", written(x, 2), "<< /Kids [ 9 0 R 3 0 R ] /Type /Pages /Count 2 >>");
         Checks.due("the page", written(x, 3), "<< /Type /Page /Parent 2 0 R /MediaBox [ 0 0 1 1 ] >>");
         for (int k = 0; k <= 3; k++) {
-            PaperHouse y = Checks.loads("three kids elsewhere", new Files().object(1, Files.CATALOG).object(2, "<< /Type /Pages /Kids 6 0 R /Count 3 >>")
+            House y = Checks.loads("three kids elsewhere", new Files().object(1, Files.CATALOG).object(2, "<< /Type /Pages /Kids 6 0 R /Count 3 >>")
                     .object(3, Files.PAGE).object(4, Files.PAGE).object(5, Files.PAGE).object(6, "[ 3 0 R 4 0 R 7 0 R ]").object(7, "5 0 R")
                     .table("/Root 1 0 R"), 3);
             StringBuilder want = new StringBuilder("3 0 R 4 0 R 7 0 R ");
@@ -280,7 +278,7 @@ public final class ChangeTest {
     }
 
     private static void deepKids() {
-        PaperHouse x = Checks.loads("deep", new Files().object(1, Files.CATALOG)
+        House x = Checks.loads("deep", new Files().object(1, Files.CATALOG)
                 .object(2, "<< /Type /Pages /Kids [ 3 0 R 5 0 R ] /Count 7 0 R >>")
                 .object(3, "<< /Type /Pages /Parent 2 0 R /Kids [ 4 0 R ] /Count 7 0 R >>")
                 .object(4, "<< /Type /Page /Parent 3 0 R /MediaBox [ 0 0 1 1 ] >>")
@@ -297,8 +295,8 @@ public final class ChangeTest {
     }
 
     private static void manyMoves() {
-        PaperHouse x = two();
-        for (int i = 0; i < 500; i++) {
+        House x = two();
+        for (int i = 0; i < 400; i++) {
             Checks.due("move " + i, x.move(i % 4, (i * 7 + 1) % 4) > 0, true);
         }
         Checks.due("all are there", x.pages(), 4);
@@ -308,7 +306,7 @@ public final class ChangeTest {
     }
 
     private static void theCursorGoes() {
-        PaperHouse x = paged();
+        House x = paged();
         x.go(1);
         x.insert(5, 1, 1);
         x.turn(0, 1);
@@ -342,7 +340,7 @@ public final class ChangeTest {
 
     private static void edgesOfInsert() {
         for (int k = -2; k <= 4; k++) {
-            PaperHouse x = Checks.loads("two pages", twoPages(), 2);
+            House x = Checks.loads("two pages", twoPages(), 2);
             boolean good = k >= 0 && k <= 2;
             Checks.due("insert at " + k, x.insert(k, 1, 1), good ? 5 : -1);
             Checks.due("pages then", x.pages(), good ? 3 : 2);
@@ -351,7 +349,7 @@ public final class ChangeTest {
                 Checks.due("it is page " + k, x.page(k, 0), 5);
             }
         }
-        PaperHouse x = Checks.loads("two pages", twoPages(), 2);
+        House x = Checks.loads("two pages", twoPages(), 2);
         for (int far : FAR) {
             Checks.due("k " + far, x.insert(far, 1, 1), -1);
             Checks.due("w " + far, x.insert(0, far, 1), -1);
@@ -372,13 +370,13 @@ public final class ChangeTest {
 
     private static void edgesOfDelete() {
         for (int k = -1; k <= 3; k++) {
-            PaperHouse x = Checks.loads("two pages", twoPages(), 2);
+            House x = Checks.loads("two pages", twoPages(), 2);
             boolean good = k >= 0 && k < 2;
             Checks.due("delete " + k, x.delete(k), good ? 1 : -1);
             Checks.due("left", pages(x), good ? k == 0 ? "4 " : "3 " : "3 4 ");
             Checks.due("changed", x.count(6), good ? 1 : 0);
         }
-        PaperHouse x = Checks.loads("two pages", twoPages(), 2);
+        House x = Checks.loads("two pages", twoPages(), 2);
         for (int far : FAR) {
             Checks.due("delete " + far, x.delete(far), -1);
         }
@@ -390,19 +388,19 @@ public final class ChangeTest {
     private static void edgesOfMove() {
         for (int k = -1; k <= 2; k++) {
             for (int to = -1; to <= 3; to++) {
-                PaperHouse x = Checks.loads("two pages", twoPages(), 2);
+                House x = Checks.loads("two pages", twoPages(), 2);
                 boolean good = k >= 0 && k < 2 && to >= 0 && to <= 1;
                 Checks.due("move " + k + " to " + to, x.move(k, to), good ? 3 + k : -1);
                 Checks.due("pages", pages(x), good && k != to ? "4 3 " : "3 4 ");
                 Checks.due("changed", x.count(6), good ? 2 : 0);
             }
         }
-        PaperHouse x = Checks.loads("two pages", twoPages(), 2);
+        House x = Checks.loads("two pages", twoPages(), 2);
         for (int far : FAR) {
             Checks.due("move " + far, x.move(far, 0), -1);
             Checks.due("move to " + far, x.move(0, far), -1);
         }
-        PaperHouse none = Checks.loads("no pages", Files.empty().table("/Root 1 0 R"), 0);
+        House none = Checks.loads("no pages", Files.empty().table("/Root 1 0 R"), 0);
         Checks.due("move of none", none.move(0, 0), -1);
         Checks.due("delete of none", none.delete(0), -1);
         Checks.due("turn of none", none.turn(0, 90), false);
@@ -410,7 +408,7 @@ public final class ChangeTest {
     }
 
     private static void edgesOfTurn() {
-        PaperHouse x = Checks.loads("two pages", twoPages(), 2);
+        House x = Checks.loads("two pages", twoPages(), 2);
         for (int degrees = -460; degrees <= 460; degrees++) {
             boolean good = degrees % 90 == 0 && degrees >= -360 && degrees <= 360;
             int before = x.page(1, 5);
@@ -425,7 +423,7 @@ public final class ChangeTest {
         }
         Checks.due("the other one is not turned", x.page(0, 5), 0);
         Checks.due("one is changed", x.count(6), 1);
-        PaperHouse y = Checks.loads("Rotate by reference", new Files().object(1, Files.CATALOG).object(2, Files.ONE_PAGE)
+        House y = Checks.loads("Rotate by reference", new Files().object(1, Files.CATALOG).object(2, Files.ONE_PAGE)
                 .object(3, "<< /Type /Page /Rotate 4 0 R /Parent 2 0 R /MediaBox [ 0 0 1 1 ] >>").object(4, "90").table("/Root 1 0 R"), 1);
         Checks.due("turn", y.turn(0, 0), true);
         Checks.due("in its place", written(y, 3), "<< /Type /Page /Rotate 0 /Parent 2 0 R /MediaBox [ 0 0 1 1 ] >>");
@@ -434,7 +432,7 @@ public final class ChangeTest {
     }
 
     private static void edgesOfContents() {
-        PaperHouse x = Checks.loads("two pages", twoPages(), 2);
+        House x = Checks.loads("two pages", twoPages(), 2);
         for (int k : new int[] {-2147483648, -1, 2, 2147483647}) {
             Checks.due("contents of " + k, Files.contents(x, k, "x"), -1);
             Checks.due("the tape is used up", x.cut(1), -1);
@@ -446,7 +444,7 @@ public final class ChangeTest {
         Checks.due("page 1 has them", x.page(1, 6), 8000);
         Checks.due("page 0 has not", x.page(0, 6), 0);
         Checks.due("no entries", x.go(5) * 100 + x.here(2), 900);
-        PaperHouse y = Checks.loads("contents there", new Files().object(1, Files.CATALOG).object(2, Files.ONE_PAGE)
+        House y = Checks.loads("contents there", new Files().object(1, Files.CATALOG).object(2, Files.ONE_PAGE)
                 .object(3, "<< /Contents [ 4 0 R 4 0 R ] /Type /Page /Parent 2 0 R /MediaBox [ 0 0 1 1 ] >>").stream(4, "", "abc").table("/Root 1 0 R"), 1);
         Checks.due("bytes before", y.page(0, 6), 7);
         Checks.due("contents", Files.contents(y, 0, "S"), 5);
@@ -455,19 +453,26 @@ public final class ChangeTest {
         Checks.due("the stream stays", y.size(4), 3);
         Checks.due("two are changed", y.count(6), 2);
         // Streams that no page has any more count among the 40000.
-        for (int i = 0; i < 4; i++) {
-            Checks.due("8000 more", Files.contents(y, 0, Files.repeat("x", 8000)), 6 + i);
-        }
-        Checks.due("7997 are too many", Files.contents(y, 0, Files.repeat("x", 7997)), -1);
-        Checks.due("changed as before", y.count(6), 6);
-        Checks.due("7996 are not", Files.contents(y, 0, Files.repeat("x", 7996)), 10);
-        Checks.due("one is too many", Files.contents(y, 0, "x"), -1);
-        Checks.due("none is not", Files.contents(y, 0, ""), 11);
+        House many = Checks.loads("39900 bytes", Files.streamed(39900), 1);
+        Checks.due("50 more", Files.contents(many, 0, Files.repeat("x", 50)), 9);
+        Checks.due("48 more", Files.contents(many, 0, Files.repeat("x", 48)), 10);
+        Checks.due("3 are too many", Files.contents(many, 0, "xxx"), -1);
+        Checks.due("changed as before", many.count(6), 3);
+        Checks.due("2 are not", Files.contents(many, 0, "xx"), 11);
+        Checks.due("one is too many", Files.contents(many, 0, "x"), -1);
+        Checks.due("none is not", Files.contents(many, 0, ""), 12);
+        House whole = Checks.loads("40000 bytes", Files.streamed(40000), 1);
+        Checks.due("not one", Files.contents(whole, 0, "x"), -1);
+        Checks.due("but none", Files.contents(whole, 0, ""), 9);
+        House half = Checks.loads("32000 bytes", Files.streamed(32000), 1);
+        Checks.due("8000 at once", Files.contents(half, 0, Files.repeat("x", 8000)), 8);
+        House less = Checks.loads("32001 bytes", Files.streamed(32001), 1);
+        Checks.due("not 8000 at once", Files.contents(less, 0, Files.repeat("x", 8000)), -1);
     }
 
     private static void edgesOfInfo() {
         for (int which : new int[] {-2147483648, -1, 4, 5, 2147483647}) {
-            PaperHouse x = Checks.loads("two pages", twoPages(), 2);
+            House x = Checks.loads("two pages", twoPages(), 2);
             Checks.due("info " + which, Files.info(x, which, "x"), -1);
             Checks.due("the tape is used up", x.cut(1), -1);
             Checks.due("nothing is there", x.count(2) + x.count(6), 0);
@@ -475,7 +480,7 @@ public final class ChangeTest {
         String[] names = {"Title", "Author", "Subject", "Keywords"};
         for (int which = 0; which < 4; which++) {
             for (int many = 1999; many <= 2002; many++) {
-                PaperHouse x = Checks.loads("two pages", twoPages(), 2);
+                House x = Checks.loads("two pages", twoPages(), 2);
                 boolean good = many <= 2000;
                 Checks.due(names[which] + " of " + many, Files.info(x, which, Files.repeat("x", many)), good ? 5 : -1);
                 Checks.due("the tape is used up", x.cut(1), -1);
@@ -490,7 +495,7 @@ public final class ChangeTest {
                 }
             }
         }
-        PaperHouse x = Checks.loads("two pages", twoPages(), 2);
+        House x = Checks.loads("two pages", twoPages(), 2);
         StringBuilder all = new StringBuilder();
         for (int c = 0; c < 256; c++) {
             all.append((char) c);
@@ -503,32 +508,30 @@ public final class ChangeTest {
         x.up();
         x.down(1);
         Checks.due("no bytes", x.here(2), 0);
-        PaperHouse four = Checks.loads("two pages", twoPages(), 2);
-        for (int round = 0; round < 2; round++) {
-            for (int which = 0; which < 4; which++) {
-                Files.info(four, which, Files.noise(2000, which + 4 * round));
-            }
-            for (int which = 0; which < 4; which++) {
-                four.go(5);
-                four.down(which);
-                Checks.due("all four at once " + which, Files.letters(four, false), Files.noise(2000, which + 4 * round));
-            }
-            Checks.due("the names that were read stay", written(four, 5).startsWith("<< /Title <"), true);
-            four.whole();
-            Checks.due("in other objects, too", Files.out(four).startsWith("%PDF-1.7\n1 0 obj\n<< /Type /Catalog /Pages 3 0 R >>\nendobj\n"), true);
+        House four = Checks.loads("two pages", twoPages(), 2);
+        for (int which = 0; which < 4; which++) {
+            Files.info(four, which, Files.noise(2000, which));
         }
-        PaperHouse full = Checks.loads("Info there, Size 200", Files.paged().object(4, "<< /A 1 >>").table("/Info 4 0 R /Root 1 0 R", 200), 1);
+        for (int which = 0; which < 4; which++) {
+            four.go(5);
+            four.down(which);
+            Checks.due("all four at once " + which, Files.letters(four, false), Files.noise(2000, which));
+        }
+        Checks.due("the names that were read stay", written(four, 5).startsWith("<< /Title <"), true);
+        four.whole();
+        Checks.due("in other objects, too", Files.out(four).startsWith("%PDF-1.7\n1 0 obj\n<< /Type /Catalog /Pages 3 0 R >>\nendobj\n"), true);
+        House full = Checks.loads("Info there, Size 200", Files.paged().object(4, "<< /A 1 >>").table("/Info 4 0 R /Root 1 0 R", 200), 1);
         Checks.due("no new number is needed", Files.info(full, 2, "s"), 4);
         Checks.due("it comes last", written(full, 4), "<< /A 1 /Subject (s) >>");
         Checks.due("a stream needs one", Files.contents(full, 0, ""), -1);
-        PaperHouse row = Checks.loads("Info through a row", Files.paged().object(4, "5 0 R").object(5, "<< >>").table("/Info 4 0 R /Root 1 0 R"), 1);
+        House row = Checks.loads("Info through a row", Files.paged().object(4, "5 0 R").object(5, "<< >>").table("/Info 4 0 R /Root 1 0 R"), 1);
         Checks.due("the last object", Files.info(row, 0, "t"), 5);
         Checks.due("is changed", written(row, 5), "<< /Title (t) >>");
         Checks.due("alone", row.count(6), 1);
     }
 
     /** Three nodes: 2 has 3, page 5 and 4; 3 has pages 6, 7; 4 has page 8; 9 is of none. */
-    private static PaperHouse web() {
+    private static House web() {
         String page = "<< /Type /Page /Parent @ 0 R >>";
         return Checks.loads("a web", new Files().object(1, Files.CATALOG)
                 .object(2, "<< /Type /Pages /Kids [ 9 0 R 3 0 R 5 0 R 4 0 R ] /Count 4 /MediaBox [ 0 0 9 9 ] >>")
@@ -539,7 +542,7 @@ public final class ChangeTest {
                 .table("/Root 1 0 R"), 4);
     }
 
-    private static String kids(PaperHouse x, int node) {
+    private static String kids(House x, int node) {
         x.go(node);
         StringBuilder all = new StringBuilder();
         int entries = x.here(2);
@@ -568,7 +571,7 @@ public final class ChangeTest {
             {"6 7 of 2", "8 10 of 2", "9 3 5 4 of 5", "6 7 5 8 10 "}};
         int[] nodes = {3, 3, 2, 4, 4};
         for (int k = 0; k <= 4; k++) {
-            PaperHouse x = web();
+            House x = web();
             Checks.due("insert " + k, x.insert(k, 1, 1), 10);
             Checks.due("node 3 behind " + k, kids(x, 3), want[k][0]);
             Checks.due("node 4 behind " + k, kids(x, 4), want[k][1]);
@@ -584,7 +587,7 @@ public final class ChangeTest {
             {"6 7 of 2", "8 of 1", "9 3 4 of 3", "6 7 8 "}, {"6 7 of 2", "of 0", "9 3 5 4 of 3", "6 7 5 "}};
         int[] changed = {2, 2, 1, 2};
         for (int k = 0; k < 4; k++) {
-            PaperHouse x = web();
+            House x = web();
             int page = x.page(k, 0);
             Checks.due("delete " + k, x.delete(k), 3);
             Checks.due("node 3 without " + k, kids(x, 3), want[k][0]);
@@ -595,14 +598,14 @@ public final class ChangeTest {
             Checks.due("its object stays", x.go(page), 7);
             Checks.due("as it was", x.here(2), 2);
         }
-        PaperHouse x = web();
+        House x = web();
         for (int left = 3; left >= 0; left--) {
             Checks.due("delete the last", x.delete(left), left);
         }
         Checks.due("nodes of none", kids(x, 2) + kids(x, 3) + kids(x, 4), "9 3 4 of 0of 0of 0");
         Checks.due("insert into the first node", x.insert(0, 1, 1), 10);
         Checks.due("last", kids(x, 2), "9 3 4 10 of 1");
-        PaperHouse y = Checks.loads("one page below", new Files().object(1, Files.CATALOG).object(2, "<< /Type /Pages /Kids [ 3 0 R ] /Count 1 >>")
+        House y = Checks.loads("one page below", new Files().object(1, Files.CATALOG).object(2, "<< /Type /Pages /Kids [ 3 0 R ] /Count 1 >>")
                 .object(3, "<< /Type /Pages /Parent 2 0 R /Kids [ 4 0 R ] /Count 1 /MediaBox [ 0 0 1 1 ] >>")
                 .object(4, "<< /Type /Page /Parent 3 0 R >>").table("/Root 1 0 R"), 1);
         Checks.due("the only page is moved", y.move(0, 0), 4);
@@ -614,7 +617,7 @@ public final class ChangeTest {
     private static void countsAbove() {
         for (int k = 0; k < 4; k++) {
             for (int to = 0; to < 4; to++) {
-                PaperHouse x = web();
+                House x = web();
                 StringBuilder want = new StringBuilder("6 7 5 8 ");
                 String page = want.substring(2 * k, 2 * k + 2);
                 want.delete(2 * k, 2 * k + 2).insert(2 * to, page);
@@ -624,7 +627,7 @@ public final class ChangeTest {
                 x.whole();
                 x.take();
                 Checks.due("it loads " + k + " to " + to, x.load(), 4);
-                PaperHouse y = web();
+                House y = web();
                 y.move(k, to);
                 y.more();
                 y.take();
@@ -635,7 +638,7 @@ public final class ChangeTest {
     }
 
     private static void over(String node, String page, String want) {
-        PaperHouse x = Checks.loads("taken over " + page, new Files().object(1, Files.CATALOG)
+        House x = Checks.loads("taken over " + page, new Files().object(1, Files.CATALOG)
                 .object(2, "<< /Type /Pages /Kids [ 3 0 R ] /Count 1 /MediaBox [ 0 0 7 7 ] " + node + ">>")
                 .object(3, "<< /Type /Page /Parent 2 0 R " + page + ">>").object(4, "[ 1 2 3 4 ]").object(5, "null").object(6, "<< /A 1 >>")
                 .table("/Root 1 0 R"), 1);
@@ -660,7 +663,7 @@ public final class ChangeTest {
     }
 
     private static void numbered(String what, String entry, String trailer, int... want) {
-        PaperHouse x = Checks.loads(what, Files.paged().object(4, entry).table("/Root 1 0 R " + trailer), 1);
+        House x = Checks.loads(what, Files.paged().object(4, entry).table("/Root 1 0 R " + trailer), 1);
         for (int n : want) {
             int size = x.count(0);
             Checks.due(what + ": the next", Files.contents(x, 0, ""), n);
@@ -686,7 +689,7 @@ public final class ChangeTest {
         numbered("what a string tells is none", "(5 0 R)", "", 5);
         numbered("what is far is none yet", "[ 199 0 R 198 0 R ]", "", 5, 6);
         // What a change took away was read all the same.
-        PaperHouse x = Checks.loads("a Rotate that goes", new Files().object(1, Files.CATALOG).object(2, Files.ONE_PAGE)
+        House x = Checks.loads("a Rotate that goes", new Files().object(1, Files.CATALOG).object(2, Files.ONE_PAGE)
                 .object(3, Files.PAGE.replace(" >>", " /Rotate 4 0 R >>")).table("/Root 1 0 R"), 1);
         x.turn(0, 90);
         Checks.due("4 was named", x.insert(0, 1, 1), 5);
@@ -704,7 +707,7 @@ public final class ChangeTest {
                 + "trailer << /Size 6 /Root 1 0 R >>\n", files.placeOf(1), files.placeOf(2), files.placeOf(3), three));
         int newest = files.length();
         files.raw("xref\n0 0\ntrailer << /Size 4 /Root 1 0 R /Prev " + elder + " >>\n");
-        PaperHouse x = Checks.loads("elder generations", files.end(newest), 1);
+        House x = Checks.loads("elder generations", files.end(newest), 1);
         Checks.due("4 is new", x.insert(0, 1, 1), 4);
         Checks.due("5 is new", x.insert(0, 1, 1), 5);
         x.more();
@@ -727,36 +730,36 @@ public final class ChangeTest {
             rows.append(n == 7 || n == 9 ? '\2' : '\1').append((char) (place >> 8)).append((char) (place & 255)).append('\0');
         }
         files.raw("10 0 obj << /Type /XRef /Size 11 /W [ 1 2 1 ] /Index [ 1 9 ] /Root 1 0 R /Length 36 >> stream\n" + rows + "\nendstream endobj ");
-        PaperHouse x = Checks.loads("many objects", files.end(begin), 2);
+        House x = Checks.loads("many objects", files.end(begin), 2);
         for (int i = 0; i < 58; i++) {
             Checks.due("insert " + i, x.insert(i, 5, 5), 11 + i);
         }
-        for (int i = 0; i < 300; i++) {
+        for (int i = 0; i < 100; i++) {
             Checks.due("move " + i, x.move(i * 7 % 60, i * 11 % 60) > 0, true);
         }
         for (int i = 0; i < 60; i++) {
             Checks.due("turn " + i, x.turn(i, 180), true);
         }
-        for (int i = 0; i < 60; i++) {
+        for (int i = 0; i < 30; i++) {
             Checks.due("contents " + i, Files.contents(x, i, "S") > 0, true);
         }
-        for (int i = 0; i < 20; i++) {
+        for (int i = 0; i < 4; i++) {
             Checks.due("info " + i, Files.info(x, i % 4, "t") > 0, true);
         }
         Checks.due("shown", x.show(30), 0);
-        for (int i = 59; i >= 0; i--) {
+        for (int i = 59; i >= 40; i--) {
             Checks.due("delete " + i, x.delete(i), i);
         }
     }
 
     private static void fullOfNumbers() {
-        PaperHouse x = Checks.loads("Size 199, and 199 named", Files.paged().object(4, "199 0 R").table("/Root 1 0 R", 199), 1);
+        House x = Checks.loads("Size 199, and 199 named", Files.paged().object(4, "199 0 R").table("/Root 1 0 R", 199), 1);
         Checks.due("insert", x.insert(0, 1, 1), -1);
         Checks.due("contents", Files.contents(x, 0, ""), -1);
         Checks.due("info", Files.info(x, 0, ""), -1);
         Checks.due("nothing changed", x.count(6), 0);
         Checks.due("Size", x.count(0), 199);
-        PaperHouse y = Checks.loads("Size 198", Files.paged().object(4, "198 0 R").table("/Root 1 0 R", 198), 1);
+        House y = Checks.loads("Size 198", Files.paged().object(4, "198 0 R").table("/Root 1 0 R", 198), 1);
         Checks.due("the last number", Files.contents(y, 0, "x"), 199);
         Checks.due("Size is 200", y.count(0), 200);
         Checks.due("198 is free", y.go(198), -1);
@@ -765,7 +768,7 @@ public final class ChangeTest {
         Checks.due("delete needs none", y.delete(0), 0);
         Checks.due("insert needs one", y.insert(0, 1, 1), -1);
         Checks.due("info needs one", Files.info(y, 0, "y"), -1);
-        PaperHouse all = Checks.loads("all others", Files.paged().object(4, "5").table("/Root 1 0 R"), 1);
+        House all = Checks.loads("all others", Files.paged().object(4, "5").table("/Root 1 0 R"), 1);
         for (int n = 5; n < 200; n++) {
             Checks.due("number " + n, Files.contents(all, 0, ""), n);
         }
@@ -776,7 +779,7 @@ public final class ChangeTest {
     }
 
     private static void fullOfPages() {
-        PaperHouse x = paged();
+        House x = paged();
         for (int i = 1; i < 60; i++) {
             Checks.due("insert " + i, x.insert(i / 2, i, i), i + 3);
         }
@@ -801,7 +804,7 @@ public final class ChangeTest {
         int begin = files.length();
         files.raw("5 0 obj << /Type /XRef /Size 6 /W [ 1 2 1 ] /Index [ 1 4 ] /Root 1 0 R /Length 16 >> stream\n\2\0\4\0\2\0\4\1\2\0\4\2\1\0"
                 + (char) files.placeOf(4) + "\0\nendstream endobj ");
-        PaperHouse x = Checks.loads("all inside", files.end(begin), 1);
+        House x = Checks.loads("all inside", files.end(begin), 1);
         Checks.due("objects", x.objects(), 4);
         Checks.due("turn", x.turn(0, 90), true);
         Checks.due("changed", x.count(6), 1);
@@ -816,7 +819,7 @@ public final class ChangeTest {
 
     /** References that stand in what is changed stay as they are, also such as lead nowhere. */
     private static void referencesStay() {
-        PaperHouse x = Checks.loads("references", new Files().object(1, Files.CATALOG).object(2, "<< /X 9 7 R /Type /Pages /Kids [ 5 0 R 4 0 R ] /Count 2 >>")
+        House x = Checks.loads("references", new Files().object(1, Files.CATALOG).object(2, "<< /X 9 7 R /Type /Pages /Kids [ 5 0 R 4 0 R ] /Count 2 >>")
                 .object(3, Files.PAGE).object(4, "<< /Y [ 4 3 R 8 0 R ] /Type /Page /Parent 6 0 R /MediaBox 7 0 R >>").object(5, "3 0 R").object(6, "2 0 R")
                 .object(7, "[ 0 0 1 1 ]").table("/Root 1 0 R"), 2);
         x.move(0, 1);
@@ -831,7 +834,7 @@ public final class ChangeTest {
         generation.raw(String.format("xref\n1 3\n%010d 00000 n \n%010d 00005 n \n%010d 00000 n \ntrailer << /Size 4 /Root 1 0 R >>\n",
                 generation.placeOf(1), begin, generation.placeOf(3)));
         String file = generation.end(table).replace("/Pages 2 0 R", "/Pages 2 5 R").replace("/Parent 2 0 R", "/Parent 2 5 R");
-        PaperHouse y = Checks.loads("a node of generation 5", file, 1);
+        House y = Checks.loads("a node of generation 5", file, 1);
         Checks.due("insert", y.insert(0, 1, 1), 4);
         Checks.due("its Parent", written(y, 4), "<< /Type /Page /Parent 2 5 R /MediaBox [ 0 0 1 1 ] >>");
         y.more();
@@ -844,7 +847,7 @@ public final class ChangeTest {
 
     /** A document read anew has no part of what was changed before. */
     private static void changesAreForgotten() {
-        PaperHouse x = Checks.loads("named", Files.paged().object(4, "[ 5 0 R 6 0 R ]").table("/Root 1 0 R"), 1);
+        House x = Checks.loads("named", Files.paged().object(4, "[ 5 0 R 6 0 R ]").table("/Root 1 0 R"), 1);
         Files.contents(x, 0, "S");
         Files.info(x, 0, "T");
         x.turn(0, 90);

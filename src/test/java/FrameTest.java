@@ -142,7 +142,7 @@ public final class FrameTest {
         Checks.refuses("Size a reference", with(head + "trailer << /Size 1 0 R /Root 1 0 R >>\n"), 3, BEGIN);
         Checks.refuses("Size not above", with(head + "trailer << /Size 2 /Root 1 0 R >>\n"), 3, BEGIN);
         Checks.refuses("Size 201", with(head + "trailer << /Size 201 /Root 1 0 R >>\n"), 5, BEGIN);
-        PaperHouse x = Checks.loads("Size 200", with(head + "trailer << /Size 200 /Root 1 0 R >>\n"), 0);
+        House x = Checks.loads("Size 200", with(head + "trailer << /Size 200 /Root 1 0 R >>\n"), 0);
         Checks.due("Size 200: count(0)", x.count(0), 200);
         Checks.due("Size 200: objects", x.objects(), 2);
         Checks.refuses("Size 1", with("xref\n0 1\n0000000000 65535 f \ntrailer << /Size 1 /Root 1 0 R >>\n"), 10, 0);
@@ -164,7 +164,7 @@ public final class FrameTest {
         int elder = files.section("/Size 9 /Root 7 0 R");
         files.object(3, "(newer)");
         int newest = files.section("/Size 4 /Root 1 0 R /Prev " + elder);
-        PaperHouse x = Checks.loads("two sections", files.end(newest), 0);
+        House x = Checks.loads("two sections", files.end(newest), 0);
         Checks.due("two: count(3)", x.count(3), 2);
         Checks.due("two: count(5)", x.count(5), newest);
         Checks.due("two: count(0)", x.count(0), 4);
@@ -174,7 +174,7 @@ public final class FrameTest {
         Files free = Files.empty().object(3, "(old)").object(4, "nonsense");
         elder = free.section("/Size 9 /Root 7 0 R");
         free.raw("xref\n3 1\n0000000000 00001 f \ntrailer << /Size 4 /Root 1 0 R /Prev " + elder + " >>\n");
-        PaperHouse y = Checks.loads("freed", free.end(free.length() - ("xref\n3 1\n0000000000 00001 f \n"
+        House y = Checks.loads("freed", free.end(free.length() - ("xref\n3 1\n0000000000 00001 f \n"
                 + "trailer << /Size 4 /Root 1 0 R /Prev " + elder + " >>\n").length()), 0);
         Checks.due("freed: go(3)", y.go(3), -1);
         Checks.due("freed: beyond Size", y.go(4), -1);
@@ -243,7 +243,7 @@ public final class FrameTest {
     private static final String TOLD = "/Type /XRef /W [ 1 2 1 ] /Size 4 /Root 1 0 R";
 
     private static void rowStreams() {
-        PaperHouse x = Checks.loads("rows", rows(TOLD, DATA), 0);
+        House x = Checks.loads("rows", rows(TOLD, DATA), 0);
         Checks.due("rows: count(4)", x.count(4), 1);
         Checks.due("rows: count(5)", x.count(5), BEGIN);
         Checks.due("rows: objects", x.objects(), 3);
@@ -263,7 +263,7 @@ public final class FrameTest {
         int begin = table.length();
         table.raw("9 0 obj << /Type /XRef /W [ 1 1 1 ] /Index [ ] /Size 3 /Root 1 0 R /Length 0 /Prev " + elder
                 + " >> stream\n\nendstream endobj ");
-        PaperHouse y = Checks.loads("rows of none", table.end(begin), 0);
+        House y = Checks.loads("rows of none", table.end(begin), 0);
         Checks.due("rows of none: count(3)", y.count(3), 2);
         Checks.due("rows of none: count(4)", y.count(4), 1);
     }
@@ -309,7 +309,7 @@ public final class FrameTest {
     }
 
     private static void aFaultEndsTheDocument() {
-        PaperHouse x = Checks.loads("a document", Files.empty().table("/Root 1 0 R"), 0);
+        House x = Checks.loads("a document", Files.empty().table("/Root 1 0 R"), 0);
         x.go(1);
         Checks.due("a fault", Files.load(x, "nothing"), -101);
         Checks.due("fault(0)", x.fault(0), 1);
@@ -484,7 +484,7 @@ public final class FrameTest {
         Checks.refuses("none and beyond all", with(start + "0 99999999999999999999999\n" + ROOT), 5, BEGIN);
         Checks.refuses("both beyond all", with(start + "4294967296 4294967296\n" + ROOT), 5, BEGIN);
         String all = "xref\n0 200\n" + ENTRIES + Files.repeat(free, 197);
-        PaperHouse x = Checks.loads("all 200", with(all + ROOT.replace("Size 3", "Size 200")), 0);
+        House x = Checks.loads("all 200", with(all + ROOT.replace("Size 3", "Size 200")), 0);
         Checks.due("all 200: Size", x.count(0), 200);
         Checks.due("all 200: objects", x.objects(), 2);
         Checks.refuses("all 200 and Size 199", with(all + ROOT.replace("Size 3", "Size 199")), 3, BEGIN);

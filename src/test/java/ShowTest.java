@@ -42,14 +42,14 @@ public final class ShowTest {
         Checks.end();
     }
 
-    private static PaperHouse house(String font) {
+    private static House house(String font) {
         return Checks.loads("a house", new Files().object(1, Files.CATALOG).object(2, Files.ONE_PAGE)
                 .object(3, "<< /Type /Page /Parent 2 0 R /MediaBox [ 0 0 10 20 ] /Resources << /Font << /F 4 0 R /G " + FONT
                         + " >> >> >>").object(4, font).object(5, "1000").object(6, "4 0 R").stream(7, "", "").table("/Root 1 0 R"), 1);
     }
 
-    private static PaperHouse shows(String contents, int glyphs) {
-        PaperHouse x = house(FONT);
+    private static House shows(String contents, int glyphs) {
+        House x = house(FONT);
         Files.contents(x, 0, contents);
         Checks.due(contents + ": show", x.show(0), glyphs);
         Checks.due(contents + ": fault(2)", x.fault(2), glyphs < 0 ? -100 - glyphs : 0);
@@ -66,7 +66,7 @@ public final class ShowTest {
         Checks.due(contents + ": fault(3)", shows(contents, -100 - fault).fault(3), place);
     }
 
-    private static void glyph(String what, PaperHouse x, int i, int code, double left, double up, double size, int font) {
+    private static void glyph(String what, House x, int i, int code, double left, double up, double size, int font) {
         Checks.due(what + ": code of " + i, x.glyph(i, 0), code);
         Checks.due(what + ": x of " + i, x.glyph(i, 1), Math.round(left * ONE));
         Checks.due(what + ": y of " + i, x.glyph(i, 2), Math.round(up * ONE));
@@ -75,13 +75,13 @@ public final class ShowTest {
     }
 
     private static void strings() {
-        PaperHouse x = shows("/F 10 Tf 1 Tc 2 Tw BT 5 7 Td (A CB\\377) Tj ET", 5);
+        House x = shows("/F 10 Tf 1 Tc 2 Tw BT 5 7 Td (A CB\\377) Tj ET", 5);
         glyph("strings", x, 0, 'A', 5, 7, 10, 4);
         glyph("strings", x, 1, ' ', 11, 7, 10, 4);
         glyph("strings", x, 2, 'C', 14, 7, 10, 4);
         glyph("strings", x, 3, 'B', 25, 7, 10, 4);
         glyph("strings", x, 4, 255, 28.505, 7, 10, 4);
-        PaperHouse y = shows("BT /G -2 Tf [ (A) 500 (A) -1000.0 () (A) ] TJ ET", 3);
+        House y = shows("BT /G -2 Tf [ (A) 500 (A) -1000.0 () (A) ] TJ ET", 3);
         glyph("pieces", y, 0, 'A', 0, 0, -2, 0);
         glyph("pieces", y, 1, 'A', 0, 0, -2, 0);
         glyph("pieces", y, 2, 'A', -3, 0, -2, 0);
@@ -90,24 +90,24 @@ public final class ShowTest {
     }
 
     private static void matrices() {
-        PaperHouse x = shows("2 0 0 3 10 20 cm BT /F 4 Tf 1 0 .5 1 1 2 Tm (AA) Tj 1 1 Td (A) Tj ET", 3);
+        House x = shows("2 0 0 3 10 20 cm BT /F 4 Tf 1 0 .5 1 1 2 Tm (AA) Tj 1 1 Td (A) Tj ET", 3);
         glyph("matrices", x, 0, 'A', 12, 26, 4, 4);
         glyph("matrices", x, 1, 'A', 16, 26, 4, 4);
         glyph("matrices", x, 2, 'A', 15, 29, 4, 4);
-        PaperHouse y = shows("1 0 0 1 5 0 cm 0 1 -1 0 0 0 cm BT /F 2 Tf 3 4 Td (AA) Tj ET", 2);
+        House y = shows("1 0 0 1 5 0 cm 0 1 -1 0 0 0 cm BT /F 2 Tf 3 4 Td (AA) Tj ET", 2);
         glyph("turned", y, 0, 'A', 1, 3, 2, 4);
         glyph("turned", y, 1, 'A', 1, 4, 2, 4);
         // 1/65536 times one half is nearest to the greater of 0 and 1, and of -1 and 0.
-        PaperHouse z = shows(".5 0 0 .5 0 0 cm BT /F 0 Tf .0000153 -.0000153 Td (A) Tj ET", 1);
+        House z = shows(".5 0 0 .5 0 0 cm BT /F 0 Tf .0000153 -.0000153 Td (A) Tj ET", 1);
         Checks.due("half a unit", z.glyph(0, 1), 1);
         Checks.due("minus half a unit", z.glyph(0, 2), 0);
         // 250.5 times 1/65536 a thousandth of: less than half a unit; 500.. at size 1.0 is half of one.
-        PaperHouse w = shows("BT /F .002 Tf (A) Tj (A) Tj ET", 2);
+        House w = shows("BT /F .002 Tf (A) Tj (A) Tj ET", 2);
         Checks.due("a small width", w.glyph(1, 1), 66);
     }
 
     private static void keeping() {
-        PaperHouse x = shows("/F 10 Tf 1 Tc q 2 0 0 2 0 0 cm /G 5 Tf 3 Tc BT (AA) Tj ET Q BT (AA) Tj ET", 4);
+        House x = shows("/F 10 Tf 1 Tc q 2 0 0 2 0 0 cm /G 5 Tf 3 Tc BT (AA) Tj ET Q BT (AA) Tj ET", 4);
         glyph("within", x, 1, 'A', 11, 0, 5, 0);
         glyph("behind", x, 3, 'A', 6, 0, 10, 4);
         shows(Files.repeat("q ", 20) + Files.repeat("Q ", 20), 0);
@@ -117,7 +117,7 @@ public final class ShowTest {
     }
 
     private static void lines() {
-        PaperHouse x = shows("BT /F 10 Tf 1 2 Td 3 -4 TD (A) Tj T* (A) Tj 7 TL T* (A) Tj (A) ' ET BT (A) Tj T* (A) Tj ET", 6);
+        House x = shows("BT /F 10 Tf 1 2 Td 3 -4 TD (A) Tj T* (A) Tj 7 TL T* (A) Tj (A) ' ET BT (A) Tj T* (A) Tj ET", 6);
         glyph("TD", x, 0, 'A', 4, -2, 10, 4);
         glyph("T*", x, 1, 'A', 4, -6, 10, 4);
         glyph("TL", x, 2, 'A', 4, -13, 10, 4);
@@ -156,7 +156,7 @@ public final class ShowTest {
         shows(forty, 0);
         shows(forty + " %1", 0);
         String zeros = Files.repeat("0 ", 3900);
-        PaperHouse x = house(FONT);
+        House x = house(FONT);
         for (int more = 0; more <= 2; more++) {
             Files.load(x, new Files().object(1, Files.CATALOG).object(2, Files.ONE_PAGE)
                     .object(3, "<< /Type /Page /Parent 2 0 R /MediaBox [ 0 0 10 20 ] /Contents [ 4 0 R 5 0 R ] >>")
@@ -217,22 +217,22 @@ public final class ShowTest {
             "<< /Type /Font /FirstChar 65 /LastChar 65 /Widths [ 32768 ] >>", "<< /Type /Font /FirstChar 65.0 /LastChar 65 /Widths [ 1 ] >>",
             "<< /Type /Font /FirstChar 65 /LastChar 65 /Widths [ 1 ] /Length 0 >> stream\n\nendstream", "null"};
         for (String font : bad) {
-            PaperHouse x = house(font);
+            House x = house(font);
             Files.contents(x, 0, "/F 1 Tf");
             Checks.due("font " + font, x.show(0), -113);
         }
-        PaperHouse all = house("<< /Type /Font /FirstChar 0 /LastChar 255 /Widths [ " + Files.repeat("7 ", 256) + "] >>");
+        House all = house("<< /Type /Font /FirstChar 0 /LastChar 255 /Widths [ " + Files.repeat("7 ", 256) + "] >>");
         Files.contents(all, 0, "/F 1000 Tf BT (\\000\\377) Tj ET");
         Checks.due("256 widths", all.show(0), 2);
         Checks.due("the width of 0", all.glyph(1, 1), 7 * ONE);
-        PaperHouse none = Checks.loads("no Resources", Files.paged().table("/Root 1 0 R"), 1);
+        House none = Checks.loads("no Resources", Files.paged().table("/Root 1 0 R"), 1);
         Files.contents(none, 0, "/F 1 Tf");
         Checks.due("no Resources: show", none.show(0), -113);
     }
 
     private static void fontObjects() {
         String font = FONT.replace(" 5 0 R", " 1");
-        PaperHouse x = Checks.loads("rows", new Files().object(1, Files.CATALOG)
+        House x = Checks.loads("rows", new Files().object(1, Files.CATALOG)
                 .object(2, Files.ONE_PAGE.replace("/Count", "/Resources 5 0 R /Count"))
                 .object(3, Files.PAGE).object(4, font).object(5, "<< /Font 6 0 R >>").object(6, "<< /F 7 0 R >>")
                 .object(7, "4 0 R").table("/Root 1 0 R"), 1);
@@ -272,7 +272,7 @@ public final class ShowTest {
     }
 
     private static void theAnswers() {
-        PaperHouse x = house(FONT);
+        House x = house(FONT);
         Checks.due("fault(2) before", x.fault(2), 0);
         Checks.due("fault(3) before", x.fault(3), -1);
         Checks.due("show below", x.show(-1), -1);
@@ -295,7 +295,7 @@ public final class ShowTest {
         Files.load(x, Files.empty().table("/Root 1 0 R"));
         Checks.due("fault(2) behind load", x.fault(2), 0);
         Checks.due("fault(3) behind load", x.fault(3), -1);
-        PaperHouse y = house(FONT);
+        House y = house(FONT);
         Files.contents(y, 0, "BT /F 1 Tf (AB) Tj ET");
         y.show(0);
         Files.load(y, Files.empty().table("/Root 1 0 R"));
@@ -347,7 +347,7 @@ public final class ShowTest {
     /** Each word of one byte, and of two: only those that the document tells are operators. */
     private static void operatorNames() {
         String known = " q Q cm BT ET Tf Tc Tw TL Td TD Tm T* Tj ' TJ m l c v y re h S s f F f* B B* b b* n W W* w J j M i g G rg RG k K d ";
-        PaperHouse x = house(FONT);
+        House x = house(FONT);
         String signs = "*'\"abcdefghijklmnopqrstuvwxyzABCDEFGHIJKLMNOPQRSTUVWXYZ0";
         for (char one : signs.toCharArray()) {
             for (char two : (" " + signs).toCharArray()) {
@@ -462,21 +462,21 @@ public final class ShowTest {
             // The array, 5986 parts, a whole, a dict, two names, an array and its part, and the last: 5994; then six more.
             String six = "1 1 1 1 1 1 ";
             String last = more == 0 ? "" : "8 ";
-            PaperHouse x = objects("[" + zeros, rest + tail + six + last + "W");
+            House x = objects("[" + zeros, rest + tail + six + last + "W");
             int place = 1 + zeros.length() + 1 + rest.length() + tail.length() + six.length();
             Checks.due("6000 and " + more, x.show(0), more == 0 ? -111 : -105);
             Checks.due("the place of it", x.fault(3), place);
         }
-        PaperHouse y = objects("[" + "0 ".repeat(3990), "0 ".repeat(2008) + "] 0 d [" + "0 ".repeat(1800));
+        House y = objects("[" + "0 ".repeat(3990), "0 ".repeat(2008) + "] 0 d [" + "0 ".repeat(1800));
         Checks.due("an array that does not end", y.show(0), -104);
-        PaperHouse z = objects("[" + "0 ".repeat(3990), "0 ".repeat(2008) + "] 0 d [" + "0 ".repeat(1800) + "] 0 d");
+        House z = objects("[" + "0 ".repeat(3990), "0 ".repeat(2008) + "] 0 d [" + "0 ".repeat(1800) + "] 0 d");
         Checks.due("they count anew", z.show(0), 0);
-        PaperHouse w = objects("[" + "0 ".repeat(3990), "0 ".repeat(2009) + "] [ ]");
+        House w = objects("[" + "0 ".repeat(3990), "0 ".repeat(2009) + "] [ ]");
         Checks.due("they count together", w.show(0), -105);
         Checks.due("at that array", w.fault(3), 1 + 2 * 3990 + 1 + 2 * 2009 + 2);
     }
 
-    private static PaperHouse objects(String first, String second) {
+    private static House objects(String first, String second) {
         return Checks.loads("many objects", new Files().object(1, Files.CATALOG).object(2, Files.ONE_PAGE)
                 .object(3, "<< /Type /Page /Parent 2 0 R /MediaBox [ 0 0 10 20 ] /Contents [ 4 0 R 5 0 R ] >>")
                 .stream(4, "/Filter /FlateDecode", Files.deflated(first)).stream(5, "/Filter /FlateDecode", Files.deflated(second))
@@ -501,7 +501,7 @@ public final class ShowTest {
 
     /** q keeps the matrix, the font, size, Tc, Tw, TL; Q brings all of them back. */
     private static void keptThings() {
-        PaperHouse x = shows("/F 10 Tf 1 Tc 2 Tw 3 TL 1 0 0 1 7 8 cm q 2 0 0 2 1 1 cm /G 20 Tf 4 Tc 5 Tw 6 TL"
+        House x = shows("/F 10 Tf 1 Tc 2 Tw 3 TL 1 0 0 1 7 8 cm q 2 0 0 2 1 1 cm /G 20 Tf 4 Tc 5 Tw 6 TL"
                 + " BT (A A) Tj T* (A) Tj ET Q BT (A A) Tj T* (A) Tj ET", 8);
         glyph("kept", x, 0, 'A', 8, 9, 20, 0);
         glyph("kept", x, 1, ' ', 8 + 28, 9, 20, 0);
@@ -512,21 +512,21 @@ public final class ShowTest {
         glyph("kept", x, 6, 'A', 16, 8, 10, 4);
         glyph("kept", x, 7, 'A', 7, 5, 10, 4);
         // The widths are those of the font that is brought back.
-        PaperHouse w = wide("/F 10 Tf q /G 10 Tf BT (AA) Tj ET Q BT (AA) Tj ET");
+        House w = wide("/F 10 Tf q /G 10 Tf BT (AA) Tj ET Q BT (AA) Tj ET");
         Checks.due("widths within", w.glyph(1, 1), 10 * ONE);
         Checks.due("widths behind", w.glyph(3, 1), 5 * ONE);
         Checks.due("font within", w.glyph(1, 4), 6);
         Checks.due("font behind", w.glyph(3, 4), 4);
-        PaperHouse v = wide("/F 10 Tf q /G 10 Tf q /F 10 Tf Q BT (AA) Tj ET Q BT (AA) Tj ET");
+        House v = wide("/F 10 Tf q /G 10 Tf q /F 10 Tf Q BT (AA) Tj ET Q BT (AA) Tj ET");
         Checks.due("widths of the second", v.glyph(1, 1), 10 * ONE);
         Checks.due("widths of the first", v.glyph(3, 1), 5 * ONE);
-        PaperHouse u = shows("q q 2 0 0 2 0 0 cm Q Q 3 0 0 3 0 0 cm q Q BT /F 1 Tf 1 1 Td (A) Tj ET", 1);
+        House u = shows("q q 2 0 0 2 0 0 cm Q Q 3 0 0 3 0 0 cm q Q BT /F 1 Tf 1 1 Td (A) Tj ET", 1);
         glyph("q in q", u, 0, 'A', 3, 3, 1, 4);
     }
 
     /** Two fonts of different widths: F of 500 for A and B, G of 1000 for A alone. */
-    private static PaperHouse wide(String contents) {
-        PaperHouse x = Checks.loads("two fonts", new Files().object(1, Files.CATALOG).object(2, Files.ONE_PAGE)
+    private static House wide(String contents) {
+        House x = Checks.loads("two fonts", new Files().object(1, Files.CATALOG).object(2, Files.ONE_PAGE)
                 .object(3, "<< /Type /Page /Parent 2 0 R /MediaBox [ 0 0 10 20 ] /Resources << /Font << /F 4 0 R /G 6 0 R >> >> >>")
                 .object(4, "<< /Type /Font /FirstChar 65 /LastChar 66 /Widths [ 500 600 ] >>")
                 .object(6, "<< /Type /Font /FirstChar 65 /LastChar 65 /Widths [ 1000 ] >>").table("/Root 1 0 R"), 1);
@@ -587,11 +587,11 @@ public final class ShowTest {
     }
 
     private static void font(String font, int answer) {
-        PaperHouse x = house(font);
+        House x = house(font);
         Files.contents(x, 0, "/F 1 Tf");
         Checks.due("font " + font, x.show(0), answer);
         Checks.due("font " + font + ": place", x.fault(3), answer == 0 ? -1 : 5);
-        PaperHouse y = Checks.loads("a direct font", new Files().object(1, Files.CATALOG).object(2, Files.ONE_PAGE)
+        House y = Checks.loads("a direct font", new Files().object(1, Files.CATALOG).object(2, Files.ONE_PAGE)
                 .object(3, Files.PAGE.replace(" >>", " /Resources << /Font << /G " + font + " >> >> >>")).object(5, "1000").object(6, "4 0 R")
                 .table("/Root 1 0 R"), 1);
         Files.contents(y, 0, "/G 1 Tf");
@@ -623,7 +623,7 @@ public final class ShowTest {
         for (String resources : new String[] {"<< >>", "<< /Font null >>", "<< /Font 9 0 R >>", "<< /Font [ ] >>", "<< /Font 5 >>", "<< /Font << >> >>",
             "<< /Font << /F null >> >>", "<< /Font << /F 9 0 R >> >>", "<< /Font << /F 4 1 R >> >>", "<< /Font << /F 5 >> >>", "<< /Font << /f 4 0 R >> >>",
             "<< /Font << /F 7 0 R >> >>", "<< /Font 8 0 R >>", "<< /F 4 0 R >>", "null"}) {
-            PaperHouse x = Checks.loads("Resources " + resources, new Files().object(1, Files.CATALOG).object(2, Files.ONE_PAGE)
+            House x = Checks.loads("Resources " + resources, new Files().object(1, Files.CATALOG).object(2, Files.ONE_PAGE)
                     .object(3, Files.PAGE.replace(" >>", " /Resources " + resources + " >>"))
                     .object(4, "<< /Type /Font /FirstChar 65 /LastChar 65 /Widths [ 1 ] >>")
                     .stream(7, "/Type /Font /FirstChar 65 /LastChar 65 /Widths [ 1 ]", "").stream(8, "/F 4 0 R", "").table("/Root 1 0 R"), 1);
@@ -635,17 +635,17 @@ public final class ShowTest {
 
     /** A code outside of FirstChar .. LastChar has no width, also if another font gave it one before. */
     private static void widthsOfFonts() {
-        PaperHouse x = wide("/F 10 Tf BT (BB) Tj ET /G 10 Tf BT (BB) Tj ET BT (AA) Tj ET");
+        House x = wide("/F 10 Tf BT (BB) Tj ET /G 10 Tf BT (BB) Tj ET BT (AA) Tj ET");
         Checks.due("B of F", x.glyph(1, 1), 6 * ONE);
         Checks.due("B of G", x.glyph(3, 1), 0);
         Checks.due("A of G", x.glyph(5, 1), 10 * ONE);
-        PaperHouse y = shows("/F 10 Tf BT (@ADC@) Tj ET", 5);
+        House y = shows("/F 10 Tf BT (@ADC@) Tj ET", 5);
         glyph("@ and D have none", y, 1, 'A', 0, 0, 10, 4);
         glyph("A has one", y, 2, 'D', 5, 0, 10, 4);
         glyph("C has 1000", y, 4, '@', 15, 0, 10, 4);
-        PaperHouse large = shows("/F 32767 Tf BT (@D@D@) Tj ET", 5);
+        House large = shows("/F 32767 Tf BT (@D@D@) Tj ET", 5);
         Checks.due("none at all", large.glyph(4, 1), 0);
-        PaperHouse row = Checks.loads("rows", new Files().object(1, Files.CATALOG).object(2, Files.ONE_PAGE)
+        House row = Checks.loads("rows", new Files().object(1, Files.CATALOG).object(2, Files.ONE_PAGE)
                 .object(3, "<< /Type /Page /Parent 2 0 R /MediaBox [ 0 0 10 20 ] /Resources << /Font << /F 6 0 R >> >> >>")
                 .object(4, "<< /Type 7 0 R /FirstChar 8 0 R /LastChar 9 0 R /Widths 10 0 R >>").object(6, "5 0 R").object(5, "4 0 R")
                 .object(7, "/Font").object(8, "65").object(9, "8 0 R").object(10, "[ 11 0 R ]").object(11, "12 0 R").object(12, "-250")
@@ -656,7 +656,7 @@ public final class ShowTest {
     }
 
     private static void units(String contents, int glyph, int left, int up) {
-        PaperHouse x = shows(contents, glyph + 1);
+        House x = shows(contents, glyph + 1);
         Checks.due(contents + ": x", x.glyph(glyph, 1), left);
         Checks.due(contents + ": y", x.glyph(glyph, 2), up);
     }
@@ -675,7 +675,7 @@ public final class ShowTest {
         // 32767 units times one are less than half of one, as are 102721 times 319 of 65536000.
         units("/F 0 Tf .499985 0 0 .499985 0 0 cm BT " + unit + " -" + unit + " Td (A) Tj ET", 0, 0, 0);
         units("/F 0 Tf .500016 0 0 .500016 0 0 cm BT " + unit + " -" + unit + " Td (A) Tj ET", 0, 1, -1);
-        PaperHouse less = house("<< /Type /Font /FirstChar 65 /LastChar 65 /Widths [ 1.567398071 ] >>");
+        House less = house("<< /Type /Font /FirstChar 65 /LastChar 65 /Widths [ 1.567398071 ] >>");
         Files.contents(less, 0, "/F .004867554 Tf BT (AA) Tj ET");
         Checks.due("less than half of one", less.show(0), 2);
         Checks.due("the size", less.glyph(1, 3), 319);
@@ -690,7 +690,7 @@ public final class ShowTest {
         units("/F " + unit + " Tf BT [ 501 (A) ] TJ ET", 0, -1, 0);
         units("/F " + unit + " Tf BT [ -1499 (A) -1500 (A) ] TJ ET", 1, 4, 0);
         // Tc and Tw come behind the nearest of the width.
-        PaperHouse more = shows("/F " + unit + " Tf " + unit + " Tc " + unit + " Tw BT (A A) Tj ET", 3);
+        House more = shows("/F " + unit + " Tf " + unit + " Tc " + unit + " Tw BT (A A) Tj ET", 3);
         Checks.due("behind A and Tc", more.glyph(1, 1), 2);
         Checks.due("behind a blank, Tc and Tw", more.glyph(2, 1), 4);
     }
@@ -751,7 +751,7 @@ public final class ShowTest {
         wrong("/F 1 Tf BT -32768.0 TL () '", 14, 26);
         shows("-32768 TL BT ET", 0);
         // TD sets TL, though it is beyond what it goes to then.
-        PaperHouse x = shows("/F 1 Tf BT 1 -5 TD T* (A) Tj ET BT T* (A) Tj ET", 2);
+        House x = shows("/F 1 Tf BT 1 -5 TD T* (A) Tj ET BT T* (A) Tj ET", 2);
         glyph("TD and T*", x, 0, 'A', 1, -10, 1, 4);
         glyph("TL stays", x, 1, 'A', 0, -5, 1, 4);
         wrong("BT 32767 0 0 1 0 0 Tm 1 0 Td 1 0 Td", 14, 33);
@@ -811,23 +811,23 @@ public final class ShowTest {
 
     /** The pieces of contents have one byte between: a token ends there. */
     private static void severalStreams() {
-        PaperHouse x = Checks.loads("pieces", new Files().object(1, Files.CATALOG).object(2, Files.ONE_PAGE)
+        House x = Checks.loads("pieces", new Files().object(1, Files.CATALOG).object(2, Files.ONE_PAGE)
                 .object(3, "<< /Type /Page /Parent 2 0 R /MediaBox [ 0 0 10 20 ] /Contents [ 4 0 R 5 0 R 6 0 R 4 0 R ] >>")
                 .stream(4, "", "1 ").stream(5, "", "g %").stream(6, "", "").table("/Root 1 0 R"), 1);
         Checks.due("pieces: bytes", x.page(0, 6), 10);
         Checks.due("pieces: show", x.show(0), 0);
-        PaperHouse y = Checks.loads("a row in two pieces", new Files().object(1, Files.CATALOG).object(2, Files.ONE_PAGE)
+        House y = Checks.loads("a row in two pieces", new Files().object(1, Files.CATALOG).object(2, Files.ONE_PAGE)
                 .object(3, "<< /Type /Page /Parent 2 0 R /MediaBox [ 0 0 10 20 ] /Contents [ 4 0 R 5 0 R ] >>")
                 .stream(4, "", "1 r").stream(5, "", "g").table("/Root 1 0 R"), 1);
         Checks.due("a row in two pieces: show", y.show(0), -111);
         Checks.due("a row in two pieces: place", y.fault(3), 2);
-        PaperHouse z = Checks.loads("a string in two pieces", new Files().object(1, Files.CATALOG).object(2, Files.ONE_PAGE)
+        House z = Checks.loads("a string in two pieces", new Files().object(1, Files.CATALOG).object(2, Files.ONE_PAGE)
                 .object(3, "<< /Type /Page /Parent 2 0 R /MediaBox [ 0 0 10 20 ] /Contents [ 4 0 R 5 0 R ] /Resources << /Font << /F 6 0 R >> >> >>")
                 .stream(4, "", "/F 1 Tf BT (a").stream(5, "", "b) Tj ET").object(6, FONT.replace(" 5 0 R", " 1")).table("/Root 1 0 R"), 1);
         Checks.due("a string in two pieces: show", z.show(0), 3);
         Checks.due("the byte between", z.glyph(1, 0), 10);
         String zeros = Files.deflated("S ".repeat(4000));
-        PaperHouse full = Checks.loads("full contents", new Files().object(1, Files.CATALOG).object(2, Files.ONE_PAGE)
+        House full = Checks.loads("full contents", new Files().object(1, Files.CATALOG).object(2, Files.ONE_PAGE)
                 .object(3, "<< /Type /Page /Parent 2 0 R /MediaBox [ 0 0 10 20 ] /Contents [ 4 0 R 4 0 R 4 0 R 4 0 R 5 0 R ] >>")
                 .stream(4, "/Filter /FlateDecode", zeros).stream(5, "/Filter /FlateDecode", Files.deflated("S ".repeat(3997) + "x ")).table("/Root 1 0 R"), 1);
         Checks.due("full contents: bytes", full.page(0, 6), 40000);
@@ -842,7 +842,7 @@ public final class ShowTest {
                 .object(3, "<< /Type /Page /Parent 2 0 R /MediaBox [ 0 0 10 20 ] /Contents [ 4 0 R 4 0 R 4 0 R 4 0 R 5 0 R ] >>")
                 .stream(4, "/Filter /FlateDecode", Files.deflated(zeros))
                 .stream(5, "/Filter /FlateDecode", Files.deflated("[" + "(x)".repeat(1300) + "/A ".repeat(1300) + "]")).table("/Root 1 0 R");
-        PaperHouse x = Checks.loads("many objects", file, 1);
+        House x = Checks.loads("many objects", file, 1);
         for (int i = 0; i < 12; i++) {
             Checks.due("shown " + i, x.show(0), 0);
             Checks.due("turned " + i, x.turn(0, 90 * (i % 4)), true);
@@ -859,7 +859,7 @@ public final class ShowTest {
 
     /** What one page left open has no part in the next one; the glyphs are those of the page shown last. */
     private static void shownAgain() {
-        PaperHouse x = house(FONT);
+        House x = house(FONT);
         x.insert(1, 5, 5);
         Files.contents(x, 0, "/F 2 Tf 3 Tc 4 Tw 5 TL 2 0 0 2 7 7 cm q BT 9 9 Td (A) Tj 1 2 3");
         Files.contents(x, 1, "BT ET");

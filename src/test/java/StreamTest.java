@@ -64,7 +64,7 @@ public final class StreamTest {
     }
 
     private static void decodes(String what, String entries, String data, String want) {
-        PaperHouse x = Checks.loads(what, file(stream(entries, data)), 0);
+        House x = Checks.loads(what, file(stream(entries, data)), 0);
         Checks.due(what + ": size", x.size(3), want.length());
         Checks.due(what + ": data", Files.data(x, 3), want);
         Checks.due(what + ": behind", x.data(3, want.length()), -1);
@@ -74,7 +74,7 @@ public final class StreamTest {
         decodes("plain", "", "ab\0\u00ffc", "ab\0\u00ffc");
         decodes("empty", "", "", "");
         decodes("a remark inside", "", "%abc", "%abc");
-        PaperHouse x = Checks.loads("CR LF", file("<< /Length 2 >> %x\nstream\r\nabendstream"), 0);
+        House x = Checks.loads("CR LF", file("<< /Length 2 >> %x\nstream\r\nabendstream"), 0);
         Checks.due("CR LF: size", x.size(3), 2);
         Checks.due("size of a dict", x.size(1), -1);
         Checks.due("size of none", x.size(9), -1);
@@ -100,10 +100,10 @@ public final class StreamTest {
     }
 
     private static void lengths() {
-        PaperHouse x = Checks.loads("behind", Files.empty()
+        House x = Checks.loads("behind", Files.empty()
                 .object(3, "<< /Length 5 0 R >> stream\nabc\nendstream").object(5, "3").table("/Root 1 0 R"), 0);
         Checks.due("behind: size", x.size(3), 3);
-        PaperHouse y = Checks.loads("ahead", Files.empty()
+        House y = Checks.loads("ahead", Files.empty()
                 .object(3, "3").object(5, "<< /Length 3 0 R >> stream\nabc\nendstream").table("/Root 1 0 R"), 0);
         Checks.due("ahead: data", Files.data(y, 5), "abc");
     }
@@ -433,11 +433,11 @@ public final class StreamTest {
     }
 
     private static void objectStreams() {
-        PaperHouse x = Checks.loads("inside", inside("/Type /ObjStm /N 2 /First 8 ", "7 0 4 3 [] (in)", 3, 1), 0);
+        House x = Checks.loads("inside", inside("/Type /ObjStm /N 2 /First 8 ", "7 0 4 3 [] (in)", 3, 1), 0);
         Checks.due("inside: kind", x.go(4), 5);
         Checks.due("inside: letters", Files.letters(x, false), "in");
         Checks.due("inside: objects", x.objects(), 4);
-        PaperHouse y = Checks.loads("inside flate", inside("/Type /ObjStm /N 1 /First 6 /Filter /FlateDecode",
+        House y = Checks.loads("inside flate", inside("/Type /ObjStm /N 1 /First 6 /Filter /FlateDecode",
                 Files.deflated("4%x\n 0 1 0 R"), 3, 0), 0);
         Checks.due("a reference inside", y.go(4), 8);
         Checks.due("no stream inside", Checks.loads("dict", inside("/Type /ObjStm /N 1 /First 4", "4 0 << /Length 1 >> stream", 3, 0), 0).go(4), 7);
@@ -592,14 +592,14 @@ public final class StreamTest {
 
     private static void bodies() {
         for (String line : new String[] {"\n", "\r\n"}) {
-            PaperHouse x = Checks.loads("a line end", file("<< /Length 2 >>%\nstream" + line + "\r\nendstream"), 0);
+            House x = Checks.loads("a line end", file("<< /Length 2 >>%\nstream" + line + "\r\nendstream"), 0);
             Checks.due("the bytes", Files.data(x, 3), "\r\n");
         }
         for (String line : new String[] {"\r", " \n", "\t\n", "", "\0\n", "%\n", "\f"}) {
             wrong("another line end", "<< /Length 2 >>stream" + line + "abendstream", 6);
         }
         for (String tail : new String[] {"endstream", "\nendstream", "\r\nendstream", "\rendstream", "\n\n \0\f%x\nendstream", " endstream"}) {
-            PaperHouse x = Checks.loads("tail " + tail, file("<< /Length 2 >> stream\nab" + tail), 0);
+            House x = Checks.loads("tail " + tail, file("<< /Length 2 >> stream\nab" + tail), 0);
             Checks.due("tail " + tail, x.size(3), 2);
         }
         for (String tail : new String[] {"", "cendstream", "endstreamx", "\nEndstream", "\nendstream endstream", ") endstream", "%endstream"}) {
@@ -614,7 +614,7 @@ public final class StreamTest {
             wrong("Length " + length + " of a byte", "<< /Length " + length + " >> stream\nxendstream", 6);
             length("of an object " + length, "5 0 R", length, 6, false);
         }
-        PaperHouse none = Checks.loads("Length 0", file("<< /Length 0 >> stream\nendstream"), 0);
+        House none = Checks.loads("Length 0", file("<< /Length 0 >> stream\nendstream"), 0);
         Checks.due("Length 0: size", none.size(3), 0);
         Checks.due("Length 0: data", none.data(3, 0), -1);
         wrong("the word of another", "<< /Length 2 >> streams\nabendstream", 6);
@@ -639,7 +639,7 @@ public final class StreamTest {
         wrong("a length of number 199", dict.replace("4 0 R", "199 0 R"), 6);
         Files two = Files.empty().object(3, "<< /Length 6 0 R >> stream\nabc\nendstream").object(4, "<< /Length 6 0 R >> stream\ndef\nendstream")
                 .object(6, "3");
-        PaperHouse x = Checks.loads("one length of two", two.table("/Root 1 0 R"), 0);
+        House x = Checks.loads("one length of two", two.table("/Root 1 0 R"), 0);
         Checks.due("the second's bytes", Files.data(x, 4), "def");
         Files chain = Files.empty().object(3, "<< /Length 4 0 R >> stream\n\nendstream").object(4, "<< /Length 5 0 R >> stream\nabc\nendstream")
                 .object(5, "3");
@@ -652,7 +652,7 @@ public final class StreamTest {
 
     /** What waited when a file was refused has no part in the next one; nor have its objects. */
     private static void afterARefusal() {
-        PaperHouse x = new PaperHouse();
+        House x = new House();
         String waits = Files.empty().object(3, "<< /Length 4 0 R >> stream\nabc\nendstream").object(4, "x").table("/Root 1 0 R");
         String good = Files.empty().object(3, "[" + Files.repeat("1 ", 3000) + "]").table("/Root 1 0 R");
         for (int i = 0; i < 12; i++) {
@@ -682,7 +682,7 @@ public final class StreamTest {
         }
         files.raw("99 0 obj << /Type /XRef /Size 33 /W [ 1 2 1 ] /Index [ 1 32 ] /Root 1 0 R /Length 128 >> stream\n" + rows + "\nendstream endobj ");
         String file = files.end(begin);
-        PaperHouse x = new PaperHouse();
+        House x = new House();
         for (int i = 0; i < 12; i++) {
             Checks.due("load " + i, Files.load(x, file), 0);
             Checks.due("objects " + i, x.objects(), 32);
@@ -696,7 +696,7 @@ public final class StreamTest {
         String text = "\0a\0b\0c";
         String body = stream("/Filter /FlateDecode /DecodeParms << " + parms + " >>", Files.deflated(text));
         if (good) {
-            PaperHouse x = Checks.loads("parms " + parms, file(body), 0);
+            House x = Checks.loads("parms " + parms, file(body), 0);
             Checks.due("parms " + parms, Files.data(x, 3), predicts ? "abc" : text);
         } else {
             wrong("parms " + parms, body, 7);
@@ -1130,7 +1130,7 @@ public final class StreamTest {
             insideWrong("pairs " + pairs, good.replace("First 8", "First " + (pairs.length() + 1)), all, 1, 6, PLACE);
         }
         for (String pairs : new String[] {"7 0 4 3", "0 0 4 3", "2147483647 2147483647 04 03", "4 3 4 3", "7%x\n0\r4\0" + "3", "\f7 0 4 3%x"}) {
-            PaperHouse x = Checks.loads("pairs " + pairs, inside(good.replace("First 8", "First " + (pairs.length() + 1)), pairs + "\n[] (in)", 3, 1), 0);
+            House x = Checks.loads("pairs " + pairs, inside(good.replace("First 8", "First " + (pairs.length() + 1)), pairs + "\n[] (in)", 3, 1), 0);
             Checks.due("pairs " + pairs, x.go(4), 5);
         }
         StringBuilder pairs = new StringBuilder();
@@ -1179,7 +1179,7 @@ public final class StreamTest {
         Files later = Files.empty().stream(3, "", "abc");
         int place = later.placeOf(3);
         String file = inRow(later, "\2\0\5\0", "7", "/Type /ObjStm /N 1 /First 4", "3 0 /in", '\0');
-        PaperHouse x = Checks.loads("a later holder", file, 0);
+        House x = Checks.loads("a later holder", file, 0);
         Checks.due("read first", x.go(3), 4);
         Files wrong = Files.empty();
         file = inRow(wrong, "\2\0\5\0", ")", "/Type /ObjStm /N 1 /First 4", "3 0 )", '\0');

@@ -14,7 +14,7 @@ public final class TapeTest {
     }
 
     private static void aNewHouse() {
-        PaperHouse x = new PaperHouse();
+        House x = new House();
         Checks.due("NONE", PaperHouse.NONE, -1);
         Checks.due("new: objects", x.objects(), -1);
         Checks.due("new: go", x.go(1), -1);
@@ -52,7 +52,7 @@ public final class TapeTest {
     }
 
     private static void feedAndCut() {
-        PaperHouse x = new PaperHouse();
+        House x = new House();
         for (int i = 1; i <= 400; i++) {
             Checks.due("feed " + i, x.feed(0, -1, i, 7, 8), 20 * i);
         }
@@ -69,7 +69,7 @@ public final class TapeTest {
     }
 
     private static void theTapeIsUsedUp() {
-        PaperHouse x = new PaperHouse();
+        House x = new House();
         Files.feed(x, "abc");
         Checks.due("load of nonsense", x.load(), -101);
         Checks.due("the tape behind load", x.cut(1), -1);
@@ -89,7 +89,7 @@ public final class TapeTest {
     }
 
     private static void theOut() {
-        PaperHouse x = Checks.loads("out", Files.empty().table("/Root 1 0 R"), 0);
+        House x = Checks.loads("out", Files.empty().table("/Root 1 0 R"), 0);
         int many = x.whole();
         Checks.due("outs", x.outs(), many);
         Checks.due("out below", x.out(-1), -1);
@@ -111,32 +111,28 @@ public final class TapeTest {
         Checks.due("the out is empty then", x.outs(), 0);
         Checks.due("the sum is 1 then", x.sum(), 1);
 
-        PaperHouse y = Checks.loads("large out", largeFile(), 1);
-        Checks.due("whole of it", y.whole() > 8000, true);
+        House y = Checks.loads("large out", Files.heavy(5, 5600), 5);
+        Checks.due("whole of it", y.whole() > 28000, true);
         Files.feed(y, "abc");
         Checks.due("take of too much", y.take(), -1);
         Checks.due("the tape stays", y.cut(3), 0);
-        Checks.due("more of it", y.more() > 7400, true);
-        for (int i = 0; i < 2; i++) {
-            Checks.due("contents more", Files.contents(y, 0, Files.noise(7900, i + 9)) > 0, true);
+        Checks.due("more of it", y.more() < 2000, true);
+        for (int k = 0; k < 5; k++) {
+            Checks.due("turn", y.turn(k, 90), true);
+            Checks.due("more of " + k, y.more() > 5600 * (k + 1), true);
         }
-        Checks.due("more of more", y.more() > 24000, true);
-        Checks.due("contents once more", Files.contents(y, 0, Files.noise(7900, 99)) > 0, true);
+        for (int i = 0; i < 3; i++) {
+            Checks.due("info", Files.info(y, i, Files.repeat("i", 400)) > 0, true);
+        }
         Checks.due("more is more than 30000", y.more(), -1);
         Checks.due("outs then", y.outs(), 0);
-        java.util.zip.Adler32 none = new java.util.zip.Adler32();
-        Checks.due("sum then", y.sum(), (int) none.getValue());
-    }
-
-    private static String largeFile() {
-        return new Files().object(1, Files.CATALOG).object(2, Files.ONE_PAGE)
-                .object(3, "<< /Type /Page /Parent 2 0 R /A 4 0 R /MediaBox [ 0 0 10 20 ] >>")
-                .stream(4, "", Files.noise(7400, 1)).table("/Root 1 0 R");
+        Checks.due("sum then", y.sum(), 1);
+        Checks.due("take then", y.take(), 0);
     }
 
     /** Each number's highest byte comes first; the numbers come in their order. */
     private static void bytesOfFeed() {
-        PaperHouse x = Checks.loads("a page", Files.paged().table("/Root 1 0 R"), 1);
+        House x = Checks.loads("a page", Files.paged().table("/Root 1 0 R"), 1);
         Checks.due("feed", x.feed(0x01020304, 0x85868788, -1, 0x7fffffff, 0x80000000), 20);
         int n = x.contents(0);
         int[] want = {1, 2, 3, 4, 0x85, 0x86, 0x87, 0x88, 255, 255, 255, 255, 127, 255, 255, 255, 128, 0, 0, 0};
@@ -158,7 +154,7 @@ public final class TapeTest {
     }
 
     private static void edgesOfCut() {
-        PaperHouse x = new PaperHouse();
+        House x = new House();
         x.feed(1, 2, 3, 4, 5);
         for (int n : new int[] {-2147483648, -20, -1, 21, 22, 8000, 2147483647}) {
             Checks.due("cut " + n, x.cut(n), -1);
@@ -168,7 +164,7 @@ public final class TapeTest {
         Checks.due("not to 20 then", x.cut(20), -1);
         Checks.due("to 0", x.cut(0), 19);
         Checks.due("to 0 again", x.cut(0), 0);
-        PaperHouse full = new PaperHouse();
+        House full = new House();
         for (int i = 0; i < 399; i++) {
             full.feed(1, 2, 3, 4, 5);
         }
@@ -183,7 +179,7 @@ public final class TapeTest {
     }
 
     private static void edgesOfOut() {
-        PaperHouse x = Checks.loads("a page", Files.paged().table("/Root 1 0 R"), 1);
+        House x = Checks.loads("a page", Files.paged().table("/Root 1 0 R"), 1);
         for (int i : new int[] {-2147483648, -1, 0, 1, 2147483647}) {
             Checks.due("nothing yet at " + i, x.out(i), -1);
         }
@@ -209,7 +205,7 @@ public final class TapeTest {
     }
 
     private static void anEmptyOut() {
-        PaperHouse x = new PaperHouse();
+        House x = new House();
         x.feed(1, 2, 3, 4, 5);
         Checks.due("take of nothing", x.take(), 0);
         Checks.due("the tape is empty", x.cut(1), -1);
@@ -224,7 +220,7 @@ public final class TapeTest {
     /** Every call of a new house, and of one whose file was refused, with far numbers. */
     private static void everyAnswerOfANewHouse() {
         for (int round = 0; round < 2; round++) {
-            PaperHouse x = new PaperHouse();
+            House x = new House();
             if (round == 1) {
                 Files.load(x, Files.paged().table("/Root 1 0 R"));
                 x.go(1);

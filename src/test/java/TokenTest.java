@@ -39,8 +39,8 @@ public final class TokenTest {
     }
 
     /** A document with that object 3, the cursor being there. */
-    private static PaperHouse at(String body) {
-        PaperHouse x = Checks.loads(body, file(body), 0);
+    private static House at(String body) {
+        House x = Checks.loads(body, file(body), 0);
         Checks.due(body + ": go", x.go(3) >= 0, true);
         return x;
     }
@@ -50,13 +50,13 @@ public final class TokenTest {
     }
 
     private static void value(String body, int kind, int value) {
-        PaperHouse x = at(body);
+        House x = at(body);
         Checks.due(body + ": kind", x.here(0), kind);
         Checks.due(body + ": value", x.here(1), value);
     }
 
     private static void letters(String body, int kind, String want) {
-        PaperHouse x = at(body);
+        House x = at(body);
         Checks.due(body + ": kind", x.here(0), kind);
         Checks.due(body + ": letters", Files.letters(x, false), want);
         Checks.due(body + ": behind", x.letter(want.length(), false), -1);
@@ -181,7 +181,7 @@ public final class TokenTest {
     }
 
     private static void references() {
-        PaperHouse x = at("7 12 R");
+        House x = at("7 12 R");
         Checks.due("reference: number", x.here(1), 7);
         Checks.due("reference: generation", x.here(3), 12);
         Checks.due("reference: parts", x.here(2), 0);
@@ -195,14 +195,14 @@ public final class TokenTest {
         Checks.refuses("two signs", file("[ 1 ] 0 R"), 6, Files.empty().length());
         wrong("[ 1 +0 R ]", 4, 7);
         wrong("[ 1 0 R2 ]", 4, 6);
-        PaperHouse y = at("[ 1 2 3 4 R 5 6 ]");
+        House y = at("[ 1 2 3 4 R 5 6 ]");
         Checks.due("wholes and a reference", y.here(2), 5);
         Checks.due("the third is a reference", y.down(2), 8);
         Checks.due("its number", y.here(1), 3);
     }
 
     private static void arraysAndDicts() {
-        PaperHouse x = at("[[]<</A[/B(c)]/C/D>>(e)<66>1 -2.5 null true]");
+        House x = at("[[]<</A[/B(c)]/C/D>>(e)<66>1 -2.5 null true]");
         Checks.due("array: parts", x.here(2), 8);
         Checks.due("array: part 0", x.down(0), 6);
         Checks.due("array: part 0 has none", x.down(0), -1);
@@ -259,7 +259,7 @@ public final class TokenTest {
     }
 
     private static void theCursor() {
-        PaperHouse x = at("[ 1 [ /A ] << /Key (v) >> ]");
+        House x = at("[ 1 [ /A ] << /Key (v) >> ]");
         Checks.due("up at an object", x.up(), -1);
         Checks.due("down below 0", x.down(-1), -1);
         Checks.due("down to none", x.down(3), -1);
@@ -290,13 +290,13 @@ public final class TokenTest {
         Checks.due("go(-1)", x.go(-1), -1);
         Checks.due("go(200)", x.go(200), -1);
         Checks.due("go far", x.go(Integer.MAX_VALUE), -1);
-        PaperHouse y = at(Files.repeat("[", 20) + Files.repeat("]", 20));
+        House y = at(Files.repeat("[", 20) + Files.repeat("]", 20));
         for (int i = 0; i < 19; i++) {
             Checks.due("down " + i, y.down(0), 6);
         }
         Checks.due("down at last", y.down(0), -1);
         Checks.due("up from there", y.up(), 18);
-        PaperHouse z = at("<< /Length 3 >>\nstream\nabc\nendstream");
+        House z = at("<< /Length 3 >>\nstream\nabc\nendstream");
         Checks.due("a stream", z.here(0), 9);
         Checks.due("its entries", z.here(2), 1);
         Checks.due("its entry", z.down(0), 2);
@@ -308,7 +308,7 @@ public final class TokenTest {
         for (int more = 0; more <= 2; more++) {
             String zeros = Files.repeat("0 ", ROOM - 1 + more);
             if (more <= 1) {
-                PaperHouse x = Checks.loads("5999 and " + more, filled("6 0 [" + zeros + "]", 0), 0);
+                House x = Checks.loads("5999 and " + more, filled("6 0 [" + zeros + "]", 0), 0);
                 x.go(6);
                 Checks.due("parts of the second", x.here(2), ROOM - 1 + more);
                 Checks.due("the last is there", x.down(ROOM - 2 + more), 2);
@@ -583,7 +583,7 @@ public final class TokenTest {
         for (int i = 0; i < 400; i++) {
             body.append("/k").append((char) ('a' + i % 20)).append((char) ('a' + i / 20)).append(' ').append(i).append(' ');
         }
-        PaperHouse x = at(body + ">>");
+        House x = at(body + ">>");
         Checks.due("400 entries", x.here(2), 400);
         for (int i = 0; i < 400; i += 57) {
             Checks.due("entry " + i, x.down(i), 2);
@@ -615,14 +615,14 @@ public final class TokenTest {
     }
 
     private static void here(String body, int... want) {
-        PaperHouse x = at(body);
+        House x = at(body);
         for (int what = 0; what < 5; what++) {
             Checks.due(body + ": here(" + what + ")", x.here(what), want[what]);
         }
         Checks.due(body + ": here(5)", x.here(5), -1);
         Checks.due(body + ": here(-1)", x.here(-1), -1);
         if (want[0] != 9) {
-            PaperHouse y = at("<< /Key " + body + " >>");
+            House y = at("<< /Key " + body + " >>");
             Checks.due(body + ": as an entry", y.down(0), want[0]);
             for (int what = 0; what < 5; what++) {
                 Checks.due(body + ": as an entry here(" + what + ")", y.here(what), what == 4 ? 3 : want[what]);
@@ -649,11 +649,11 @@ public final class TokenTest {
         here("<< /A 1 /B 2 >>", 7, 0, 2, 0, 0);
         here("7 12 R", 8, 7, 0, 12, 0);
         here("<< /A 1 /Length 2 >> stream\nab\nendstream", 9, 0, 2, 0, 0);
-        PaperHouse x = at("[ 1 ]");
+        House x = at("[ 1 ]");
         x.down(0);
         Checks.due("a part has no key", x.here(4), 0);
         Checks.due("nor its letters", x.letter(0, true), -1);
-        PaperHouse y = at("<< / (x) >>");
+        House y = at("<< / (x) >>");
         y.down(0);
         Checks.due("an empty key", y.here(4), 0);
         Checks.due("has no letter", y.letter(0, true), -1);
@@ -661,7 +661,7 @@ public final class TokenTest {
     }
 
     private static void depthOfTheCursor() {
-        PaperHouse x = at(Files.repeat("[", 20) + "7" + Files.repeat("]", 20));
+        House x = at(Files.repeat("[", 20) + "7" + Files.repeat("]", 20));
         for (int i = 1; i < 20; i++) {
             Checks.due("down " + i, x.down(0), 6);
         }
@@ -676,7 +676,7 @@ public final class TokenTest {
     }
 
     private static void nowhere() {
-        PaperHouse x = Checks.loads("nowhere", file("[ 1 ]"), 0);
+        House x = Checks.loads("nowhere", file("[ 1 ]"), 0);
         for (int i = 0; i < 3; i++) {
             Checks.due("nowhere: here", x.here(0) + x.here(1) + x.here(2) + x.here(3) + x.here(4), -5);
             Checks.due("nowhere: down", x.down(0), -1);

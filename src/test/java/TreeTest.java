@@ -43,7 +43,7 @@ public final class TreeTest {
         return files.table("/Root 1 0 R");
     }
 
-    private static PaperHouse loads(String what, String page, String... others) {
+    private static House loads(String what, String page, String... others) {
         return Checks.loads(what, file(Files.CATALOG, TREE, page, others), 1);
     }
 
@@ -52,7 +52,7 @@ public final class TreeTest {
     }
 
     private static void aPage() {
-        PaperHouse x = loads("a page", "<< /Type /Page /Parent 2 0 R /MediaBox [ -1 2.5 30 32767 ] /Rotate -450 >>");
+        House x = loads("a page", "<< /Type /Page /Parent 2 0 R /MediaBox [ -1 2.5 30 32767 ] /Rotate -450 >>");
         Checks.due("pages", x.pages(), 1);
         Checks.due("page: object", x.page(0, 0), 3);
         Checks.due("page: box", x.page(0, 1), -65536);
@@ -83,7 +83,7 @@ public final class TreeTest {
         wrong("Pages of no dict", 1, Files.CATALOG.replace("2 0 R", "4 0 R"), TREE, PAGE, "[ ]");
         wrong("no Pages", 1, "<< /Type /Catalog >>", TREE, PAGE);
         wrong("the first is a page", 3, Files.CATALOG.replace("2 0 R", "3 0 R"), TREE, PAGE);
-        PaperHouse x = Checks.loads("through references", Files.empty().object(3, "1 0 R").object(4, "3 0 R")
+        House x = Checks.loads("through references", Files.empty().object(3, "1 0 R").object(4, "3 0 R")
                 .table("/Root 4 0 R /Info 3 0 R"), 0);
         Checks.due("Root's number", x.count(1), 1);
         Checks.due("Info's number", x.count(2), 1);
@@ -114,7 +114,7 @@ public final class TreeTest {
         wrong("the node itself", 2, Files.CATALOG, "<< /Type /Pages /Kids [ 2 0 R ] /Count 0 >>", PAGE);
         wrong("a kid of two nodes", 4, Files.CATALOG, "<< /Type /Pages /Kids [ 3 0 R 4 0 R ] /Count 2 >>", PAGE,
                 "<< /Type /Pages /Parent 2 0 R /Kids 5 0 R /Count 1 >>", "[ 3 0 R ]");
-        PaperHouse x = Checks.loads("three levels", file(Files.CATALOG, "<< /Type 6 0 R /Kids 7 0 R /Count 8 0 R >>", PAGE,
+        House x = Checks.loads("three levels", file(Files.CATALOG, "<< /Type 6 0 R /Kids 7 0 R /Count 8 0 R >>", PAGE,
                 "<< /Type /Pages /Parent 2 0 R /Kids [ 5 0 R ] /Count 1 >>",
                 PAGE.replace("2 0 R", "4 0 R"), "/Pages", "[ 4 0 R 3 0 R ]", "2"), 2);
         Checks.due("from the left", x.page(0, 0), 5);
@@ -136,7 +136,7 @@ public final class TreeTest {
     }
 
     private static void attributes() {
-        PaperHouse x = Checks.loads("from above", file(Files.CATALOG,
+        House x = Checks.loads("from above", file(Files.CATALOG,
                 "<< /Type /Pages /Kids [ 3 0 R 4 0 R ] /Count 2 /MediaBox 6 0 R /Rotate 90 >>",
                 "<< /Type /Page /Parent 2 0 R /Rotate 180 >>",
                 "<< /Type /Pages /Parent 2 0 R /Kids [ 5 0 R ] /Count 1 /Rotate null >>",
@@ -162,7 +162,7 @@ public final class TreeTest {
         loads("good ones", "<< /Type /Page /Parent 2 0 R /MediaBox [ 0 0 1 -32768 ] /Resources << >> /Rotate 0 >>");
     }
 
-    private static PaperHouse withContents(String what, String entry) {
+    private static House withContents(String what, String entry) {
         return Checks.loads(what, contentsFile(entry), 1);
     }
 
@@ -253,10 +253,10 @@ public final class TreeTest {
                 files.object(n, (n + 1) + " 0 R");
             }
             files.object(3 + many, "90");
-            PaperHouse x = Checks.loads("a row of " + many, files.table("/Root 1 0 R"), 1);
+            House x = Checks.loads("a row of " + many, files.table("/Root 1 0 R"), 1);
             Checks.due("Rotate through a row of " + many, x.page(0, 5), many == 20 ? 90 : 0);
         }
-        PaperHouse y = loads("a ring", "<< /Type /Page /Parent 2 0 R /MediaBox [ 0 0 1 1 ] /Rotate 4 0 R >>", "5 0 R", "4 0 R");
+        House y = loads("a ring", "<< /Type /Page /Parent 2 0 R /MediaBox [ 0 0 1 1 ] /Rotate 4 0 R >>", "5 0 R", "4 0 R");
         Checks.due("Rotate in a ring", y.page(0, 5), 0);
     }
 
@@ -337,14 +337,14 @@ public final class TreeTest {
         for (String kids : new String[] {"3 0 R", "null", "5", "<< /A 3 0 R >>", "(x)", "9 0 R", "1 0 R", "/A"}) {
             wrong("Kids " + kids, 2, Files.CATALOG, TREE.replace("[ 3 0 R ]", kids), PAGE);
         }
-        PaperHouse x = Checks.loads("a kid through a row", file(Files.CATALOG, TREE.replace("3 0 R", "5 0 R"), PAGE, "3 0 R", "4 0 R"), 1);
+        House x = Checks.loads("a kid through a row", file(Files.CATALOG, TREE.replace("3 0 R", "5 0 R"), PAGE, "3 0 R", "4 0 R"), 1);
         Checks.due("the last object has the number", x.page(0, 0), 3);
         for (String type : new String[] {"/Pag", "/Pagess", "(Page)", "null", "5", "9 0 R", "/Catalog", "/page"}) {
             wrong("a kid's Type " + type, 3, Files.CATALOG, TREE, PAGE.replace("/Page ", type + " "));
         }
         wrong("a kid without a Type", 3, Files.CATALOG, TREE, PAGE.replace("/Type /Page", ""));
         wrong("Root as a kid", 1, Files.CATALOG, TREE.replace("3 0 R", "1 0 R"), PAGE);
-        PaperHouse y = Checks.loads("a node of none between", file(Files.CATALOG, "<< /Type /Pages /Kids [ 4 0 R 3 0 R 5 0 R ] /Count 1 >>", PAGE,
+        House y = Checks.loads("a node of none between", file(Files.CATALOG, "<< /Type /Pages /Kids [ 4 0 R 3 0 R 5 0 R ] /Count 1 >>", PAGE,
                 "<< /Type /Pages /Parent 2 0 R /Kids [ ] /Count 0 >>", "<< /Type /Pages /Parent 2 0 R /Kids 6 0 R /Count 0 >>", "[ ]"), 1);
         Checks.due("the page between them", y.page(0, 0), 3);
     }
@@ -398,7 +398,7 @@ public final class TreeTest {
         for (String part : new String[] {"-32768", "32767", "0", "-32768.0", "32767.99999", ".00001", "4 0 R", "5 0 R"}) {
             for (int i = 0; i < 4; i++) {
                 String box = "[ " + Files.repeat("1 ", i) + part + Files.repeat(" 1", 3 - i) + " ]";
-                PaperHouse x = loads("MediaBox " + box, "<< /Type /Page /Parent 2 0 R /MediaBox " + box + " >>", "-7.5", "4 0 R");
+                House x = loads("MediaBox " + box, "<< /Type /Page /Parent 2 0 R /MediaBox " + box + " >>", "-7.5", "4 0 R");
                 Checks.due("another part of " + box, x.page(0, 1 + (i + 1) % 4), 65536);
                 long want = part.endsWith("R") ? -491520 : Math.round(Double.parseDouble(part) * 65536);
                 Checks.due("that part of " + box, x.page(0, 1 + i), want);
@@ -417,7 +417,7 @@ public final class TreeTest {
         }
         for (String box : new String[] {"null", "9 0 R", "4 0 R", "2 1 R"}) {
             wrong("no MediaBox: " + box, 3, Files.CATALOG, TREE, "<< /Type /Page /Parent 2 0 R /MediaBox " + box + " >>", "null");
-            PaperHouse x = Checks.loads("one above " + box, file(Files.CATALOG, TREE.replace("/Count", "/MediaBox [ 1 2 3 4 ] /Count"),
+            House x = Checks.loads("one above " + box, file(Files.CATALOG, TREE.replace("/Count", "/MediaBox [ 1 2 3 4 ] /Count"),
                     "<< /Type /Page /Parent 2 0 R /MediaBox " + box + " >>", "null"), 1);
             Checks.due("its part, above " + box, x.page(0, 4), 4 * 65536);
         }
@@ -540,7 +540,7 @@ public final class TreeTest {
     }
 
     private static void whatPagesAnswer() {
-        PaperHouse x = loads("a page", PAGE.replace(" >>", " /Rotate 90 >>"));
+        House x = loads("a page", PAGE.replace(" >>", " /Rotate 90 >>"));
         for (int k : new int[] {-2147483648, -1, 1, 2, 59, 60, 2147483647}) {
             for (int what = -1; what <= 7; what++) {
                 Checks.due("page(" + k + ", " + what + ")", x.page(k, what), 0);

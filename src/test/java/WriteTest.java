@@ -36,7 +36,7 @@ public final class WriteTest {
         Checks.end();
     }
 
-    private static String whole(PaperHouse x) {
+    private static String whole(House x) {
         Checks.due("whole", x.whole(), x.outs());
         return Files.out(x);
     }
@@ -47,7 +47,7 @@ public final class WriteTest {
                 + "<< /Type /Page /Parent 2 0 R /MediaBox [ 0 0 10 20 ] >>\nendobj\nxref\n0 4\n0000000000 65535 f \n"
                 + "0000000009 00000 n \n0000000058 00000 n \n0000000117 00000 n \ntrailer\n<< /Size 4 /Root 1 0 R >>\n"
                 + "startxref\n188\n%%EOF\n";
-        PaperHouse x = Checks.loads("one page", Files.paged().table("/Root 1 0 R"), 1);
+        House x = Checks.loads("one page", Files.paged().table("/Root 1 0 R"), 1);
         Checks.due("whole", whole(x), file);
         x.take();
         Checks.due("load of it", x.load(), 1);
@@ -59,7 +59,7 @@ public final class WriteTest {
     }
 
     private static void wholeNumbers() {
-        PaperHouse x = Checks.loads("a web", new Files()
+        House x = Checks.loads("a web", new Files()
                 .object(7, "<< /A 9 0 R /Type /Catalog /Pages 4 0 R /B [ 5 0 R 20 0 R 5 1 R null 2 0 R ] >>")
                 .object(9, "[ 7 0 R 3 0 R 9 0 R ]").object(3, "(three)").object(5, "9 0 R").object(2, "null")
                 .object(4, "<< /Type /Pages /Kids [ ] /Count 0 >>").object(6, "(can't be come to)")
@@ -71,9 +71,9 @@ public final class WriteTest {
                 + "2 0 obj\n<< /Type /Pages /Kids [ ] /Count 0 >>\nendobj\n"
                 + "3 0 obj\n[ 1 0 R 5 0 R 3 0 R ]\nendobj\n4 0 obj\nnull\nendobj\n5 0 obj\n(three)\nendobj\n");
         Checks.due("the trailer", all.contains("trailer\n<< /Size 6 /Root 1 0 R /Info 2 0 R >>\nstartxref\n" + xref + "\n"), true);
-        PaperHouse y = Checks.loads("Info is Root", Files.empty().table("/Root 1 0 R /Info 1 0 R"), 0);
+        House y = Checks.loads("Info is Root", Files.empty().table("/Root 1 0 R /Info 1 0 R"), 0);
         Checks.due("each once", whole(y).contains("<< /Size 3 /Root 1 0 R /Info 1 0 R >>"), true);
-        PaperHouse w = Checks.loads("a stream's dict", new Files().object(1, "<< /Type /Catalog /S 3 0 R /Pages 2 0 R >>")
+        House w = Checks.loads("a stream's dict", new Files().object(1, "<< /Type /Catalog /S 3 0 R /Pages 2 0 R >>")
                 .object(2, Files.NO_PAGES)
                 .object(3, "<< /Length 5 0 R /X 4 0 R /Y << /Length 7 >> /DecodeParms null >> stream\nabc\nendstream").object(4, "(x)").object(5, "3")
                 .table("/Root 1 0 R"), 0);
@@ -83,7 +83,7 @@ public final class WriteTest {
     }
 
     private static void value(String read, String written) {
-        PaperHouse x = Checks.loads(read, new Files().object(1, "<< /Type /Catalog /V " + read + " /Pages 2 0 R >>")
+        House x = Checks.loads(read, new Files().object(1, "<< /Type /Catalog /V " + read + " /Pages 2 0 R >>")
                 .object(2, Files.NO_PAGES).table("/Root 1 0 R"), 0);
         String all = whole(x);
         String head = "<< /Type /Catalog /V ";
@@ -129,7 +129,7 @@ public final class WriteTest {
     }
 
     private static String coded(String text) {
-        PaperHouse x = Checks.loads("code", Files.paged().table("/Root 1 0 R"), 1);
+        House x = Checks.loads("code", Files.paged().table("/Root 1 0 R"), 1);
         Files.contents(x, 0, text);
         String all = whole(x);
         int at = all.indexOf("stream\n") + 7;
@@ -192,12 +192,12 @@ public final class WriteTest {
     private static void moreOfNothing() {
         String file = Files.paged().table("/Root 1 0 R");
         int begin = file.indexOf("xref\n");
-        PaperHouse x = Checks.loads("nothing", file, 1);
+        House x = Checks.loads("nothing", file, 1);
         Checks.due("more", x.more(), x.outs());
         Checks.due("more of nothing", Files.out(x), file + "xref\n0 0\ntrailer\n<< /Size 4 /Root 1 0 R /Prev " + begin
                 + " >>\nstartxref\n" + file.length() + "\n%%EOF\n");
         String bare = file.substring(0, file.length() - 1);
-        PaperHouse y = Checks.loads("no line end", bare, 1);
+        House y = Checks.loads("no line end", bare, 1);
         y.more();
         Checks.due("a line end comes ahead", Files.out(y).startsWith(file + "xref\n0 0\n"), true);
         y.take();
@@ -215,7 +215,7 @@ public final class WriteTest {
                 + "trailer\n<< /Size 7 /Root 1 0 R /Info 4 0 R >>\n", files.placeOf(1), files.placeOf(2), files.placeOf(3), four, five,
                 files.placeOf(6)));
         String file = files.end(begin);
-        PaperHouse x = Checks.loads("a table", file, 1);
+        House x = Checks.loads("a table", file, 1);
         Checks.due("9 is new", x.insert(0, 1, 1), 9);
         Checks.due("5 is changed", Files.info(x, 0, "T"), 5);
         x.more();
@@ -249,7 +249,7 @@ public final class WriteTest {
 
     private static void moreRows() {
         String file = rowFile("/X [ 6 0 R 8 0 R ] ");
-        PaperHouse x = Checks.loads("rows", file, 1);
+        House x = Checks.loads("rows", file, 1);
         Checks.due("5", Files.info(x, 0, "T"), 5);
         Checks.due("7", x.insert(1, 1, 1), 7);
         x.more();
@@ -270,7 +270,7 @@ public final class WriteTest {
         String free = "\0\0\0\0\0\u00ff\u00ff";
         Checks.due("the rows", Files.data(x, 9), place(at) + place(at + two.length()) + free
                 + place(at + two.length() + five.length()) + free + place(own));
-        PaperHouse y = Checks.loads("rows of nothing", rowFile(""), 1);
+        House y = Checks.loads("rows of nothing", rowFile(""), 1);
         y.more();
         Checks.due("its own alone", Files.out(y).contains("\n5 0 obj\n<< /Type /XRef /Size 6 /W [ 1 4 2 ] /Index [ 5 1 ] /Root 1 0 R /Prev "), true);
         Checks.due("Size is as it was", y.count(0), 5);
@@ -283,16 +283,16 @@ public final class WriteTest {
 
     private static void moreRefused() {
         String file = rowFile("").replace("/Size 5 ", "/Size 200 ");
-        PaperHouse x = Checks.loads("Size 200", file, 1);
+        House x = Checks.loads("Size 200", file, 1);
         x.whole();
         Checks.due("more", x.more(), -1);
         Checks.due("the out is empty", x.outs(), 0);
-        PaperHouse y = Checks.loads("Size 200 of a table", Files.paged().table("/Root 1 0 R", 200), 1);
+        House y = Checks.loads("Size 200 of a table", Files.paged().table("/Root 1 0 R", 200), 1);
         Checks.due("a table needs none", y.more() > 0, true);
     }
 
     private static void roundAndRound() {
-        PaperHouse x = Checks.loads("round", rowFile("/Info 1 0 R "), 1);
+        House x = Checks.loads("round", rowFile("/Info 1 0 R "), 1);
         for (int i = 0; i < 9; i++) {
             x.turn(0, 90 * (i % 4));
             Files.contents(x, 0, "BT ET %" + i);
@@ -404,7 +404,7 @@ public final class WriteTest {
 
     /** A stream's dict as it is written, by what was read. */
     private static void streamDict(String read, String data, String written) {
-        PaperHouse x = Checks.loads(read, new Files().object(1, "<< /Type /Catalog /S 3 0 R /Pages 2 0 R >>").object(2, Files.NO_PAGES)
+        House x = Checks.loads(read, new Files().object(1, "<< /Type /Catalog /S 3 0 R /Pages 2 0 R >>").object(2, Files.NO_PAGES)
                 .object(3, "<< " + read + " /Length " + data.length() + " >> stream\n" + data + "\nendstream").table("/Root 1 0 R"), 0);
         String text = Files.data(x, 3);
         String code = plainCode(text);
@@ -520,15 +520,15 @@ public final class WriteTest {
             files.object(n, (n + 1) + " 0 R");
         }
         files.object(50, "(end)");
-        PaperHouse x = Checks.loads("rows of references", files.table("/Root 1 0 R"), 0);
+        House x = Checks.loads("rows of references", files.table("/Root 1 0 R"), 0);
         String all = whole(x);
         // From 30 on it is a row of 21; one from 31 on would be of 20.
         Checks.due("what is NULL", all.contains("1 0 obj\n<< /Type /Catalog /Pages 2 0 R /X [ null null 3 0 R null null null 4 0 R null ] >>\nendobj\n"), true);
         Checks.due("a null object", all.contains("\n4 0 obj\nnull\nendobj\nxref\n0 5\n"), true);
-        PaperHouse y = Checks.loads("a row of 20", files20("31 0 R"), 0);
+        House y = Checks.loads("a row of 20", files20("31 0 R"), 0);
         Checks.due("a row of 20 leads to its end", whole(y).contains("/X 3 0 R >>\nendobj\n"), true);
         Checks.due("its end", Files.out(y).contains("\n3 0 obj\n(end)\nendobj\n"), true);
-        PaperHouse z = Checks.loads("a row of 21", files20("30 0 R"), 0);
+        House z = Checks.loads("a row of 21", files20("30 0 R"), 0);
         Checks.due("a row of 21 is null", whole(z).contains("/X null >>\nendobj\n"), true);
     }
 
@@ -541,7 +541,7 @@ public final class WriteTest {
     }
 
     private static void onceEach() {
-        PaperHouse x = Checks.loads("met more than once", new Files().object(3, "<< /Type /Catalog /A 9 0 R /Pages 5 0 R /B 9 0 R /C 7 0 R /Me 3 0 R >>")
+        House x = Checks.loads("met more than once", new Files().object(3, "<< /Type /Catalog /A 9 0 R /Pages 5 0 R /B 9 0 R /C 7 0 R /Me 3 0 R >>")
                 .object(5, Files.NO_PAGES).object(7, "[ 8 0 R 9 0 R ]").object(8, "(eight)").object(9, "[ 7 0 R 3 0 R 10 0 R ]").object(10, "<< /P 9 0 R >>")
                 .object(11, "(never met)").object(12, "[ 11 0 R 3 0 R ]").table("/Root 3 0 R /Info 10 0 R /Other 12 0 R"), 0);
         String all = whole(x);
@@ -578,7 +578,7 @@ public final class WriteTest {
         String flate = Files.deflated(rows.toString());
         files.raw("4 0 obj << /Type /XRef /Size 200 /W [ 1 2 1 ] /Index [ 1 199 ] /Root 1 0 R /Filter /FlateDecode /Length " + flate.length()
                 + " >> stream\n" + flate + "\nendstream endobj ");
-        PaperHouse x = Checks.loads("199 objects", files.end(begin), 0);
+        House x = Checks.loads("199 objects", files.end(begin), 0);
         Checks.due("objects", x.objects(), 199);
         String whole = whole(x);
         Checks.due("the last one", whole.contains("\n199 0 obj\n199\nendobj\nxref\n0 200\n"), true);
@@ -593,38 +593,28 @@ public final class WriteTest {
         int begin = files.length();
         files.raw(String.format("xref\n1 3\n%010d 00000 n \n%010d 00000 n \n%010d 00007 n \ntrailer << /Size 4 /Root 1 0 R >>\n",
                 files.placeOf(1), files.placeOf(2), three));
-        PaperHouse x = Checks.loads("generation 7", files.end(begin), 0);
+        House x = Checks.loads("generation 7", files.end(begin), 0);
         Checks.due("written with 0", whole(x).contains("/X [ 3 0 R null ] >>\nendobj\n"), true);
         Checks.due("its object, too", Files.out(x).contains("\n3 0 obj\n(x)\nendobj\n"), true);
     }
 
     /** A house whose document is written as so many bytes by a way, made longer by its Title. */
-    private static PaperHouse written(boolean inWhole, int bytes) {
-        PaperHouse x = Checks.loads("a page", Files.paged().table("/Root 1 0 R"), 1);
-        for (int i = 1; i < 4; i++) {
-            x.insert(0, 1, 1);
+    private static House written(boolean inWhole, int bytes) {
+        int pages = bytes > 10000 ? 5 : 1;
+        House x = Checks.loads("a heavy document", Files.heavy(pages, (bytes - (inWhole ? 1600 : 2600)) / pages - 100), pages);
+        for (int k = 0; k < pages; k++) {
+            x.turn(k, 90);
         }
         Files.info(x, 0, "");
-        int[] sizes = {7800, 7800, 7800, 0};
-        for (int k = 0; k < 4; k++) {
-            int left = bytes - (inWhole ? x.whole() : x.more());
-            int many = Math.min(sizes[k], Math.max(0, (left - 1800) * 9 / 10));
-            Files.contents(x, k, Files.noise(many, k + 77));
-        }
-        for (int i = 0; i < 3; i++) {
-            int left = bytes - (inWhole ? x.whole() : x.more());
-            if (left > 1000) {
-                Files.info(x, 1 + i, Files.repeat("t", left > 2900 ? 1900 : left - 900));
-            }
-        }
         int left = bytes - (inWhole ? x.whole() : x.more());
+        Checks.due("what a Title can make up for", left >= 0 && left < 1900, true);
         Files.info(x, 0, Files.repeat("t", Math.max(0, Math.min(2000, left))));
         return x;
     }
 
     private static void theOutIsFull() {
         for (int more = -1; more <= 2; more++) {
-            PaperHouse x = written(true, 29999);
+            House x = written(true, 29999);
             Checks.due("whole up to 29999", x.whole(), 29999);
             grow(x, 1 + more);
             Checks.due("whole of " + (30000 + more), x.whole(), more <= 0 ? 30000 + more : -1);
@@ -633,7 +623,7 @@ public final class WriteTest {
             Checks.due("the sum", x.sum() == 1, more > 0);
             x.delete(0);
             Checks.due("a smaller one", x.whole() > 9000, true);
-            PaperHouse y = written(false, 29999);
+            House y = written(false, 29999);
             Checks.due("more up to 29999", y.more(), 29999);
             grow(y, 1 + more);
             Checks.due("more of " + (30000 + more), y.more(), more <= 0 ? 30000 + more : -1);
@@ -644,7 +634,7 @@ public final class WriteTest {
     }
 
     /** The Title gets so many bytes more. */
-    private static void grow(PaperHouse x, int more) {
+    private static void grow(House x, int more) {
         x.go(x.count(2));
         x.down(0);
         int many = x.here(2);
@@ -653,7 +643,7 @@ public final class WriteTest {
 
     private static void theTapeIsFull() {
         for (int more = -1; more <= 1; more++) {
-            PaperHouse x = written(true, 7999);
+            House x = written(true, 7999);
             Checks.due("whole up to 7999", x.whole(), 7999);
             grow(x, 1 + more);
             Checks.due("whole of " + (8000 + more), x.whole(), 8000 + more);
@@ -692,7 +682,7 @@ public final class WriteTest {
 
     /** Changes: a digit turns that page, i makes Info or, if there is one, a stream; d takes the last page out. */
     private static void listed(String file, String changes, String want) {
-        PaperHouse x = Checks.loads("changes " + changes, file, 5);
+        House x = Checks.loads("changes " + changes, file, 5);
         for (char c : changes.toCharArray()) {
             if (c == 'd') {
                 x.delete(4);
@@ -724,12 +714,12 @@ public final class WriteTest {
         String file = Files.paged().table("/Root 1 0 R");
         String bare = file.substring(0, file.length() - 1);
         for (String end : new String[] {"", " ", "\r", "\0", "\t", "\n ", "\n\r"}) {
-            PaperHouse x = Checks.loads("an end", bare + end, 1);
+            House x = Checks.loads("an end", bare + end, 1);
             x.more();
             Checks.due("a 10 comes behind", Files.out(x).startsWith(bare + end + "\nxref\n0 0\n"), true);
         }
         for (String end : new String[] {"\n", "\r\n", "\n\n", " \n"}) {
-            PaperHouse x = Checks.loads("an end of 10", bare + end, 1);
+            House x = Checks.loads("an end of 10", bare + end, 1);
             x.more();
             Checks.due("no 10 comes behind", Files.out(x).startsWith(bare + end + "xref\n0 0\n"), true);
             Checks.due("its place", Files.out(x).endsWith("startxref\n" + (bare + end).length() + "\n%%EOF\n"), true);
@@ -738,7 +728,7 @@ public final class WriteTest {
 
     /** Root and Info in what is written are the last objects of rows. */
     private static void rootsAsTheyAre() {
-        PaperHouse x = Checks.loads("rows", Files.paged().object(4, "1 0 R").object(5, "6 0 R").object(6, "<< >>").table("/Root 4 0 R /Info 5 0 R"), 1);
+        House x = Checks.loads("rows", Files.paged().object(4, "1 0 R").object(5, "6 0 R").object(6, "<< >>").table("/Root 4 0 R /Info 5 0 R"), 1);
         x.more();
         Checks.due("in more", Files.out(x).contains("<< /Size 7 /Root 1 0 R /Info 6 0 R /Prev "), true);
         x.whole();
@@ -748,7 +738,7 @@ public final class WriteTest {
         Checks.due("it loads", x.load(), 1);
         Checks.due("Root", x.count(1), 1);
         Checks.due("Info", x.count(2), 6);
-        PaperHouse y = Checks.loads("no Info", Files.paged().table("/Root 1 0 R"), 1);
+        House y = Checks.loads("no Info", Files.paged().table("/Root 1 0 R"), 1);
         Files.info(y, 0, "");
         y.more();
         Checks.due("a new Info", Files.out(y).contains("<< /Size 5 /Root 1 0 R /Info 4 0 R /Prev "), true);
@@ -766,7 +756,7 @@ public final class WriteTest {
         own("i", "/X [ 5 0 R 7 0 R ] ", "5 4", 9);
         for (int size = 198; size <= 200; size++) {
             for (String named : new String[] {"", "/X 199 0 R "}) {
-                PaperHouse x = Checks.loads("Size " + size, rowFile(named).replace("/Size 5 ", "/Size " + size + " "), 1);
+                House x = Checks.loads("Size " + size, rowFile(named).replace("/Size 5 ", "/Size " + size + " "), 1);
                 boolean fits = size == 198 || size == 199 && named.isEmpty();
                 x.whole();
                 Checks.due("more at " + size + named, x.more() > 0, fits);
@@ -782,7 +772,7 @@ public final class WriteTest {
     }
 
     private static void own(String change, String entry, String index, int size) {
-        PaperHouse x = Checks.loads("own " + change, rowFile(entry), 1);
+        House x = Checks.loads("own " + change, rowFile(entry), 1);
         if (change.equals("t")) {
             x.turn(0, 90);
         } else if (change.equals("c")) {
@@ -818,7 +808,7 @@ public final class WriteTest {
             rows.append((char) (place >> 8)).append((char) (place & 255)).append(place == two ? "\3\4" : "\0\0");
         }
         files.raw("4 0 obj << /Type /XRef /Size 5 /W [ 0 2 2 ] /Index [ 1 3 ] /Root 1 0 R /Length 12 >> stream\n" + rows + "\nendstream endobj ");
-        PaperHouse x = Checks.loads("generation 772", files.end(begin), 1);
+        House x = Checks.loads("generation 772", files.end(begin), 1);
         x.delete(0);
         x.more();
         x.take();
@@ -829,7 +819,7 @@ public final class WriteTest {
 
     /** Each way writes the same again, whatever was written or read between. */
     private static void writtenAgain() {
-        PaperHouse x = Checks.loads("two streams", new Files().object(1, "<< /Type /Catalog /A 3 0 R /B 4 0 R /Pages 2 0 R >>").object(2, Files.NO_PAGES)
+        House x = Checks.loads("two streams", new Files().object(1, "<< /Type /Catalog /A 3 0 R /B 4 0 R /Pages 2 0 R >>").object(2, Files.NO_PAGES)
                 .stream(3, "", "abcdefabcdefghi").stream(4, "", "xabcdefghi, abcdefghi").object(5, "(x)").table("/Root 1 0 R"), 0);
         String first = whole(x);
         Checks.due("the second stream's code", first.contains(plainCode("xabcdefghi, abcdefghi")), true);

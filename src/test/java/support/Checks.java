@@ -27,8 +27,8 @@ final class Checks {
     }
 
     /** A file must load, with so many pages. */
-    static PaperHouse loads(String what, String file, int pages) {
-        PaperHouse house = new PaperHouse();
+    static House loads(String what, String file, int pages) {
+        House house = new House();
         due(what + ": load", Files.load(house, file), pages);
         due(what + ": fault(0)", house.fault(0), 0);
         due(what + ": fault(1)", house.fault(1), -1);
@@ -36,8 +36,8 @@ final class Checks {
     }
 
     /** A file must be refused, with that fault at that place. */
-    static PaperHouse refuses(String what, String file, int fault, int place) {
-        PaperHouse house = new PaperHouse();
+    static House refuses(String what, String file, int fault, int place) {
+        House house = new House();
         due(what + ": load", Files.load(house, file), -100 - fault);
         due(what + ": fault(0)", house.fault(0), fault);
         due(what + ": fault(1)", house.fault(1), place);

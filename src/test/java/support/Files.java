@@ -85,6 +85,44 @@ final class Files {
         return text + "startxref\n" + section + "\n%%EOF\n";
     }
 
+    /** A short file of many bytes: pages 10 and so on, which stand at one place of an object stream, with such a text each. */
+    static String heavy(int pages, int letters) {
+        StringBuilder page = new StringBuilder("<< /Type /Page /Parent 2 0 R /MediaBox [ 0 0 1 1 ]");
+        for (int left = letters; left > 0; left -= 2000) {
+            page.append(" /T").append(left).append(" (").append("x".repeat(Math.min(2000, left))).append(")");
+        }
+        StringBuilder pairs = new StringBuilder();
+        StringBuilder kids = new StringBuilder();
+        for (int n = 10; n < 10 + pages; n++) {
+            pairs.append(n).append(" 0 ");
+            kids.append(n).append(" 0 R ");
+        }
+        Files files = new Files().object(1, CATALOG).object(2, "<< /Type /Pages /Kids [ " + kids + "] /Count " + pages + " >>")
+                .stream(3, "/Type /ObjStm /N " + pages + " /First " + pairs.length() + " /Filter /FlateDecode", deflated(pairs.toString() + page + " >>"));
+        int begin = files.length();
+        StringBuilder rows = new StringBuilder();
+        for (int n = 1; n < 10 + pages; n++) {
+            int place = n <= 3 ? files.placeOf(n) : n >= 10 ? 3 : 0;
+            rows.append((char) (n <= 3 ? 1 : n >= 10 ? 2 : 0)).append((char) (place >> 8)).append((char) (place & 255)).append((char) Math.max(0, n - 10));
+        }
+        files.raw("9 0 obj << /Type /XRef /Size " + (10 + pages) + " /W [ 1 2 1 ] /Index [ 1 " + (9 + pages) + " ] /Root 1 0 R /Length " + rows.length()
+                + " >> stream\n" + rows + "\nendstream endobj ");
+        // The newest section is a table, whose length in MORE is told by how many entries it has.
+        int newest = files.length();
+        return files.raw("xref\n0 0\ntrailer << /Size " + (10 + pages) + " /Root 1 0 R /Prev " + begin + " >>\n").end(newest);
+    }
+
+    /** A short file of one page whose streams have so many bytes together. */
+    static String streamed(int bytes) {
+        Files files = paged();
+        int n = 4;
+        for (int left = bytes; left > 0; left -= 8000) {
+            files.stream(n, "/Filter /FlateDecode", deflated("y".repeat(Math.min(8000, left))));
+            n++;
+        }
+        return files.table("/Root 1 0 R");
+    }
+
     static String text(byte[] bytes) {
         return new String(bytes, StandardCharsets.ISO_8859_1);
     }
@@ -119,7 +157,7 @@ final class Files {
         return all.append('>').toString();
     }
 
-    static void feed(PaperHouse house, String text) {
+    static void feed(House house, String text) {
         house.cut(0);
         byte[] all = bytes(text);
         int[] five = new int[5];
@@ -136,22 +174,22 @@ final class Files {
         house.cut(all.length);
     }
 
-    static int load(PaperHouse house, String file) {
+    static int load(House house, String file) {
         feed(house, file);
         return house.load();
     }
 
-    static int contents(PaperHouse house, int page, String text) {
+    static int contents(House house, int page, String text) {
         feed(house, text);
         return house.contents(page);
     }
 
-    static int info(PaperHouse house, int which, String text) {
+    static int info(House house, int which, String text) {
         feed(house, text);
         return house.info(which);
     }
 
-    static String out(PaperHouse house) {
+    static String out(House house) {
         StringBuilder all = new StringBuilder();
         for (int i = 0; i < house.outs(); i++) {
             all.append((char) house.out(i));
@@ -159,7 +197,7 @@ final class Files {
         return all.toString();
     }
 
-    static String data(PaperHouse house, int n) {
+    static String data(House house, int n) {
         StringBuilder all = new StringBuilder();
         for (int i = 0; i < house.size(n); i++) {
             all.append((char) house.data(n, i));
@@ -168,7 +206,7 @@ final class Files {
     }
 
     /** The bytes of the name or string at the cursor. */
-    static String letters(PaperHouse house, boolean key) {
+    static String letters(House house, boolean key) {
         StringBuilder all = new StringBuilder();
         int many = house.here(key ? 4 : 2);
         for (int i = 0; i < many; i++) {
