@@ -308,33 +308,54 @@ public final class WriteTest {
         Checks.due("an eleventh section", x.load(), -105);
     }
 
+    private static final java.util.List<String[]> KEPT = new java.util.ArrayList<>();
+
+    /** A value that is read and written together with others, in one array. */
+    private static void one(String read, String written) {
+        KEPT.add(new String[] {read, written});
+        if (KEPT.size() == 150) {
+            together();
+        }
+    }
+
+    private static void together() {
+        StringBuilder read = new StringBuilder("[ ");
+        StringBuilder written = new StringBuilder("[ ");
+        for (String[] one : KEPT) {
+            read.append(one[0]).append(' ');
+            written.append(one[1]).append(' ');
+        }
+        value(read + "]", written + "]");
+        KEPT.clear();
+    }
+
     private static void bytesOfNames() {
-        StringBuilder all = new StringBuilder();
         for (int c = 1; c < 256; c++) {
             boolean plain = c >= 33 && c <= 126 && "()<>[]{}/%#".indexOf(c) < 0;
             String written = plain ? "" + (char) c : String.format("#%02X", c);
-            value(String.format("/x#%02xy", c), "/x" + written + "y");
-            value(String.format("<< /x#%02xy 1 >>", c), "<< /x" + written + "y 1 >>");
+            one(String.format("/x#%02xy", c), "/x" + written + "y");
+            one(String.format("<< /x#%02xy 1 >>", c), "<< /x" + written + "y 1 >>");
             if (plain) {
-                value("/" + (char) c, "/" + (char) c);
+                one("/" + (char) c, "/" + (char) c);
             }
-            all.append(c % 5 == 0 ? written : "");
         }
         value("/" + Files.repeat("#80", 60), "/" + Files.repeat("#80", 60));
-        value("<< / 1 >>", "<< / 1 >>");
+        one("<< / 1 >>", "<< / 1 >>");
+        together();
     }
 
     private static void bytesOfStrings() {
         for (int c = 0; c < 256; c++) {
             boolean plain = c >= 32 && c <= 126 && c != '(' && c != ')' && c != '\\';
             String hex = String.format("%02X", c);
-            value("<" + hex + ">", plain ? "(" + (char) c + ")" : "<" + hex + ">");
-            value("<61" + hex + "62>", plain ? "(a" + (char) c + "b)" : "<61" + hex + "62>");
+            one("<" + hex + ">", plain ? "(" + (char) c + ")" : "<" + hex + ">");
+            one("<61" + hex + "62>", plain ? "(a" + (char) c + "b)" : "<61" + hex + "62>");
         }
-        value("(a(b)c)", "<6128622963>");
+        one("(a(b)c)", "<6128622963>");
         value("(" + Files.repeat("x", 2000) + ")", "(" + Files.repeat("x", 2000) + ")");
         value("<" + Files.repeat("ff", 2000) + ">", "<" + Files.repeat("FF", 2000) + ">");
-        value("<7>", "(p)");
+        one("<7>", "(p)");
+        together();
     }
 
     /** A real of so many units, told by a number that is nearest to it. */
@@ -345,7 +366,7 @@ public final class WriteTest {
         while (digits.endsWith("0") && !digits.endsWith(".0")) {
             digits = digits.substring(0, digits.length() - 1);
         }
-        value(exact.setScale(9, java.math.RoundingMode.HALF_UP).toPlainString(), (units < 0 ? "-" : "") + digits);
+        one(exact.setScale(9, java.math.RoundingMode.HALF_UP).toPlainString(), (units < 0 ? "-" : "") + digits);
     }
 
     private static void realsInDigits() {
@@ -366,28 +387,30 @@ public final class WriteTest {
         for (int i = 0; i < 2000; i++) {
             real(i * 1048583 - 1048576000);
         }
-        value("-0.000001", "0.0");
-        value("-.0", "0.0");
-        value("+0.", "0.0");
+        one("-0.000001", "0.0");
+        one("-.0", "0.0");
+        one("+0.", "0.0");
         // 3 / 64 has six digits: of two nearest of five the greater one, without the sign.
-        value(".046875", "0.04688");
-        value("-.046875", "-0.04688");
-        value("9.046875", "9.04688");
-        value(".999985", "0.99998");
+        one(".046875", "0.04688");
+        one("-.046875", "-0.04688");
+        one("9.046875", "9.04688");
+        one(".999985", "0.99998");
+        together();
     }
 
     private static void wholesInDigits() {
         long power = 1;
         for (int i = 0; i <= 9; i++, power *= 10) {
             for (long more = -1; more <= 1; more++) {
-                value("" + (power + more), "" + (power + more));
-                value("" + (-power + more), "" + (-power + more));
-                value("+000" + (power + more), "" + (power + more));
+                one("" + (power + more), "" + (power + more));
+                one("" + (-power + more), "" + (-power + more));
+                one("+000" + (power + more), "" + (power + more));
             }
         }
-        value("2147483647", "2147483647");
-        value("-2147483647", "-2147483647");
-        value("-00", "0");
+        one("2147483647", "2147483647");
+        one("-2147483647", "-2147483647");
+        one("-00", "0");
+        together();
     }
 
     private static void emptyAndDeep() {
