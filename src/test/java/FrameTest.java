@@ -6,6 +6,7 @@ public final class FrameTest {
         tables();
         trailers();
         elderSections();
+        newestEntries();
         entries();
         rowStreams();
         rowStreamsWrong();
@@ -203,6 +204,30 @@ public final class FrameTest {
             at = files.section("/Size 3 /Root 1 0 R /Prev " + String.format("%010d", at));
         }
         return files.end(at);
+    }
+
+    /** The newest entry counts, of whatever kind the sections are; a newer one frees, or brings back. */
+    private static void newestEntries() {
+        Files files = Files.empty().object(3, "(old)").object(4, "(four)");
+        int elder = files.section("/Size 5 /Root 1 0 R");
+        int four = files.length();
+        files.raw("4 0 obj (new) endobj ");
+        int rows = files.length();
+        files.raw("9 0 obj << /Type /XRef /W [ 1 2 1 ] /Index [ 3 2 ] /Size 5 /Root 1 0 R /Prev " + elder + " /Length 8 >> stream\n"
+                + row(0, 0, 0) + row(1, four, 0) + "\nendstream endobj ");
+        House x = Checks.loads("rows over a table", files.end(rows), 0);
+        Checks.due("3 is free", x.go(3), -1);
+        Checks.due("4 is the new one", x.go(4) * 10 + x.here(2), 53);
+        int three = files.length();
+        files.raw("3 7 obj (three) endobj ");
+        int table = files.length();
+        files.raw(String.format("xref\n3 1\n%010d 00007 n \ntrailer << /Size 5 /Root 1 0 R /Prev " + rows + " >>\n", three));
+        House y = Checks.loads("a table over rows", files.end(table), 0);
+        Checks.due("3 is back", y.go(3) * 10 + y.here(2), 55);
+        Checks.due("4 is the new one still", y.go(4) * 10 + y.here(2), 53);
+        Checks.due("sections", y.count(3), 3);
+        Checks.due("the newest is a table", y.count(4), 0);
+        Checks.due("its place", y.count(5), table);
     }
 
     private static void entries() {
@@ -657,6 +682,13 @@ public final class FrameTest {
             "[ 2147483647 2147483647 ]", "[ 0 4 201 0 ]", "[ 0 4 0 201 ]", "[ 0 3 200 1 ]"}) {
             Checks.refuses("Index " + index, rows(TOLD + " /Index " + index, DATA), 5, BEGIN);
         }
+        // Of an object told twice in one section the first entry counts; object 0 is free always.
+        House first = Checks.loads("told twice", rows(TOLD + " /Index [ 0 4 1 2 ]", DATA + row(0, 0, 0) + row(1, 5, 0)), 0);
+        Checks.due("told twice: objects", first.objects(), 3);
+        Checks.refuses("free first", rows(TOLD + " /Index [ 2 1 0 4 ]", row(0, 0, 0) + DATA), 10, 1);
+        House zero = Checks.loads("object 0", rows(TOLD, DATA.replace(row(0, 0, 255), row(1, PLAIN.placeOf(1), 0))), 0);
+        Checks.due("object 0: go", zero.go(0), -1);
+        Checks.due("object 0: objects", zero.objects(), 3);
         // A pair's entries ahead of it are wrong, or the array is, as a whole.
         for (int more = 0; more < 4; more++) {
             Checks.refuses("so many bytes of an entry ahead of a limit: " + more, rows(TOLD + " /Index [ 0 5 201 0 ]", DATA + "abc".substring(0, more % 4)),

@@ -28,6 +28,7 @@ public final class StreamTest {
         byRisingNumbers();
         bodies();
         lengthsElsewhere();
+        readOnce();
         afterARefusal();
         readAgain();
         parmsAtTheirEdges();
@@ -690,6 +691,26 @@ public final class StreamTest {
             Checks.due("bytes of the last string " + i, x.here(2), 2000);
             Checks.due("bytes of the last stream " + i, x.size(32), 8000);
         }
+    }
+
+    /** An object that is read ahead of its turn is read once: its bytes, and its objects, count once. */
+    private static void readOnce() {
+        String full = Files.deflated("3 0 /in" + Files.repeat(" ", 7993));
+        Files files = Files.empty();
+        for (int n = 4; n < 8; n++) {
+            files.stream(n, "/Filter /FlateDecode", Files.deflated(Files.repeat("a", 8000)));
+        }
+        files.stream(8, "/Type /ObjStm /N 1 /First 4 /Filter /FlateDecode", full);
+        int begin = files.length();
+        StringBuilder rows = new StringBuilder();
+        for (int n = 1; n <= 8; n++) {
+            int place = n == 3 ? 8 : files.placeOf(n);
+            rows.append((char) (n == 3 ? 2 : 1)).append((char) (place >> 8)).append((char) (place & 255)).append('\0');
+        }
+        files.raw("9 0 obj << /Type /XRef /Size 9 /W [ 1 2 1 ] /Index [ 1 8 ] /Root 1 0 R /Length 32 >> stream\n" + rows + "\nendstream endobj ");
+        House x = Checks.loads("a holder read once", files.end(begin), 0);
+        Checks.due("its bytes", x.size(8), 8000);
+        Checks.due("what is in it", x.go(3), 4);
     }
 
     private static void parms(String parms, boolean good, boolean predicts) {

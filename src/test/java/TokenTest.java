@@ -31,6 +31,7 @@ public final class TokenTest {
         nowhere();
         theLastObject();
         twiceCounted();
+        onceCounted();
         Checks.end();
     }
 
@@ -381,6 +382,29 @@ public final class TokenTest {
         Checks.loads("a row stream counted twice", filled(sixth + "]", 1), 0);
         String file = filled(sixth + "0 ]", 1);
         Checks.refuses("one more", file, 5, file.lastIndexOf("/Length 36") + 8);
+    }
+
+    /** A length that is read ahead of its turn counts once, and so does what a holder holds. */
+    private static void onceCounted() {
+        for (int more = 0; more <= 1; more++) {
+            Files files = Files.empty();
+            inside(files, 5, "4 0 [" + Files.repeat("0 ", 3000) + "]");
+            inside(files, 7, "6 0 [" + Files.repeat("0 ", ROOM - 4 + more) + "]");
+            files.object(8, "<< /Length 9 0 R >> stream\n\nendstream").object(9, "0");
+            int begin = files.length();
+            StringBuilder rows = new StringBuilder();
+            for (int n = 0; n < 10; n++) {
+                int place = n == 0 || n == 3 ? 0 : n == 4 ? 5 : n == 6 ? 7 : files.placeOf(n);
+                rows.append((char) (place == 0 ? 0 : n == 4 || n == 6 ? 2 : 1)).append((char) (place >> 8)).append((char) (place & 255)).append((char) 0);
+            }
+            files.raw("11 0 obj << /Type /XRef /Size 10 /W [ 1 2 1 ] /Root 1 0 R /Length 40 >> stream\n" + rows + "\nendstream endobj ");
+            int nine = files.placeOf(9);
+            if (more == 0) {
+                Checks.due("6000 of which one is a length", Checks.loads("a length counts once", files.end(begin), 0).size(8), 0);
+            } else {
+                Checks.refuses("one more", files.end(begin), 5, nine + 8);
+            }
+        }
     }
 
     /** Each of the 256 bytes between two digits in an array. */

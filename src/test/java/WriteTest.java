@@ -644,6 +644,11 @@ public final class WriteTest {
             Checks.due("outs", x.outs(), more <= 0 ? 30000 + more : 0);
             Checks.due("the last byte", x.out(x.outs() - 1), more <= 0 ? 10 : -1);
             Checks.due("the sum", x.sum() == 1, more > 0);
+            if (more == 0) {
+                java.util.zip.Adler32 adler = new java.util.zip.Adler32();
+                adler.update(Files.bytes(Files.out(x)));
+                Checks.due("the sum of 30000 bytes", x.sum(), (int) adler.getValue());
+            }
             x.delete(0);
             Checks.due("a smaller one", x.whole() > 9000, true);
             House y = written(false, 29999);
