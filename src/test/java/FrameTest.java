@@ -226,6 +226,21 @@ public final class FrameTest {
         Checks.due("3 is back", y.go(3) * 10 + y.here(2), 55);
         Checks.due("4 is the new one still", y.go(4) * 10 + y.here(2), 53);
         Checks.due("sections", y.count(3), 3);
+        int five = files.length();
+        files.raw("5 0 obj /Five endobj ");
+        int last = files.length();
+        files.raw("9 0 obj << /Type /XRef /W [ 1 2 1 ] /Index [ 5 1 ] /Size 6 /Root 1 0 R /Prev " + table + " /Length 4 >> stream\n"
+                + row(1, five, 0) + "\nendstream endobj ");
+        House z = Checks.loads("rows over a table over rows", files.end(last), 0);
+        Checks.due("5 is there, above the Size of elder sections", z.go(5) * 10 + z.here(2), 44);
+        Checks.due("3 is there", z.go(3) * 10 + z.here(2), 55);
+        Checks.due("4 is there", z.go(4) * 10 + z.here(2), 53);
+        Checks.due("four sections", z.count(3), 4);
+        Checks.due("Size", z.count(0), 6);
+        int again = files.length();
+        files.raw("9 0 obj << /Type /XRef /W [ 0 2 0 ] /Index [ 6 1 ] /Size 7 /Root 1 0 R /Prev " + last + " /Length 2 >> stream\n"
+                + row(0, five, 0).substring(1, 3) + "\nendstream endobj ");
+        Checks.refuses("rows over rows", files.end(again), 6, five);
         Checks.due("the newest is a table", y.count(4), 0);
         Checks.due("its place", y.count(5), table);
     }
