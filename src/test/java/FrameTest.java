@@ -7,6 +7,7 @@ public final class FrameTest {
         trailers();
         elderSections();
         newestEntries();
+        whatCounts();
         entries();
         rowStreams();
         rowStreamsWrong();
@@ -243,6 +244,41 @@ public final class FrameTest {
         Checks.refuses("rows over rows", files.end(again), 6, five);
         Checks.due("the newest is a table", y.count(4), 0);
         Checks.due("its place", y.count(5), table);
+    }
+
+    private static void counts(String what, House x, int... want) {
+        for (int i = 0; i < 7; i++) {
+            Checks.due(what + ": count(" + i + ")", x.count(i), want[i]);
+        }
+        for (int i : new int[] {-2147483648, -1, 7, 8, 2147483647}) {
+            Checks.due(what + ": count(" + i + ")", x.count(i), -1);
+        }
+    }
+
+    /** All that count() tells, of a table, of rows, with Info and without, and behind changes. */
+    private static void whatCounts() {
+        House x = Checks.loads("a table", Files.paged().table("/Root 1 0 R"), 1);
+        int place = Files.paged().length();
+        counts("a table", x, 4, 1, 0, 1, 0, place, 0);
+        x.insert(0, 1, 1);
+        counts("behind insert", x, 5, 1, 0, 1, 0, place, 2);
+        Files.info(x, 0, "t");
+        counts("behind info", x, 6, 1, 5, 1, 0, place, 3);
+        Files.contents(x, 1, "S");
+        counts("behind contents", x, 7, 1, 5, 1, 0, place, 5);
+        x.turn(0, 90);
+        counts("behind turn", x, 7, 1, 5, 1, 0, place, 5);
+        x.delete(0);
+        counts("behind delete", x, 7, 1, 5, 1, 0, place, 5);
+        Checks.due("objects", x.objects(), 6);
+        int more = x.more();
+        x.take();
+        Checks.due("it loads", x.load(), 1);
+        counts("of two sections", x, 7, 1, 5, 2, 0, x.count(5), 0);
+        Checks.due("the newest one's place", x.count(5) > place && x.count(5) < more, true);
+        counts("rows", Checks.loads("rows", rows(TOLD, DATA), 0), 4, 1, 0, 1, 1, BEGIN, 0);
+        counts("rows with Info", Checks.loads("rows with Info", rows(TOLD + " /Info 1 0 R", DATA), 0), 4, 1, 1, 1, 1, BEGIN, 0);
+        counts("Size 200", Checks.loads("Size 200", Files.paged().table("/Root 1 0 R", 200), 1), 200, 1, 0, 1, 0, place, 0);
     }
 
     private static void entries() {
