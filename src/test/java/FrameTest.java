@@ -502,6 +502,14 @@ public final class FrameTest {
             tabled("behind MANY " + c, "xref\n0 3" + (char) c + "\n", c == 32 || c == 13, digit ? BEGIN + 70 : c == 10 ? BEGIN + 9 : BEGIN);
             tabled("behind the blank " + c, "xref\n0 3 " + (char) c + "\n", c == 13, c == 10 ? BEGIN + 10 : BEGIN);
         }
+        for (String remark : new String[] {"%\n", "%x\r", " %\n ", "\n% 0 3\n"}) {
+            Checks.refuses("a remark ahead of FIRST " + remark, with("xref" + remark + "0 3\n" + ENTRIES + ROOT), 3, BEGIN);
+            Checks.refuses("a remark behind FIRST " + remark, with("xref\n0" + remark + "3\n" + ENTRIES + ROOT), 3, BEGIN);
+            Checks.refuses("a remark behind MANY " + remark, with("xref\n0 3" + remark + "\n" + ENTRIES + ROOT), 3,
+                    remark.startsWith("\n") ? BEGIN + 9 : BEGIN);
+            Checks.refuses("a remark ahead of a later FIRST " + remark, with("xref\n0 3\n" + ENTRIES + remark + "5 0\n" + ROOT), 3, BEGIN);
+            Checks.loads("a remark ahead of trailer " + remark, with("xref\n0 3\n" + ENTRIES + remark + ROOT), 0);
+        }
         Checks.loads("a blank and CR", with("xref\n0 3 \r" + ENTRIES + ROOT), 0);
         Checks.refuses("no EOL", with("xref\n0 3 " + ENTRIES + ROOT), 3, BEGIN);
         Checks.refuses("LF CR", with("xref\n0 3\n\r" + ENTRIES + ROOT), 3, BEGIN + 9);

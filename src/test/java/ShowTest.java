@@ -85,6 +85,11 @@ public final class ShowTest {
         glyph("pieces", y, 0, 'A', 0, 0, -2, 0);
         glyph("pieces", y, 1, 'A', 0, 0, -2, 0);
         glyph("pieces", y, 2, 'A', -3, 0, -2, 0);
+        House z = shows("/F 10 Tf 1 Tc 2 Tw BT [ 100 (A) -200 (A ) 50 50 (A) ] TJ ET", 4);
+        glyph("numbers move alone", z, 0, 'A', -1, 0, 10, 4);
+        glyph("Tc comes with glyphs", z, 1, 'A', 7, 0, 10, 4);
+        glyph("Tw with blanks", z, 2, ' ', 13, 0, 10, 4);
+        glyph("two numbers", z, 3, 'A', 15, 0, 10, 4);
         shows("BT /F 10 Tf () Tj [ ] TJ ET", 0);
         shows("BT [ 5 6 ] TJ ET", 0);
     }
