@@ -664,6 +664,8 @@ public final class ChangeTest {
 
     private static void numbered(String what, String entry, String trailer, int... want) {
         House x = Checks.loads(what, Files.paged().object(4, entry).table("/Root 1 0 R " + trailer), 1);
+        int objects = x.objects();
+        int made = 0;
         for (int n : want) {
             int size = x.count(0);
             Checks.due(what + ": the next", Files.contents(x, 0, ""), n);
@@ -672,6 +674,9 @@ public final class ChangeTest {
                 Checks.due(what + ": free", x.go(passed), -1);
             }
             Checks.due(what + ": a stream", x.go(n), 9);
+            made++;
+            Checks.due(what + ": what is passed over is no change", x.count(6), made + 1);
+            Checks.due(what + ": nor an object", x.objects(), objects + made);
         }
     }
 
@@ -827,6 +832,20 @@ public final class ChangeTest {
         x.turn(0, 180);
         Checks.due("the page", written(x, 4), "<< /Y [ 4 3 R 8 0 R ] /Type /Page /Parent 6 0 R /MediaBox 7 0 R /Rotate 180 >>");
         Checks.due("three are changed", x.count(6), 3);
+        Files pages = new Files().object(1, Files.CATALOG).object(2, "<< /Type /Pages /Kids [ 3 4 R 4 0 R ] /Count 2 >>").object(4, Files.PAGE);
+        int page = pages.length();
+        pages.raw("3 4 obj " + Files.PAGE + " endobj ");
+        int entries = pages.length();
+        pages.raw(String.format("xref\n1 4\n%010d 00000 n \n%010d 00000 n \n%010d 00004 n \n%010d 00000 n \ntrailer << /Size 5 /Root 1 0 R >>\n",
+                pages.placeOf(1), pages.placeOf(2), page, pages.placeOf(4)));
+        House z = Checks.loads("a page of generation 4", pages.end(entries), 2);
+        Checks.due("move it", z.move(0, 1), 3);
+        Checks.due("a reference of its generation", written(z, 2), "<< /Type /Pages /Kids [ 4 0 R 3 4 R ] /Count 2 >>");
+        z.more();
+        Checks.due("written with it", Files.out(z).contains("\n3 4 obj\n" + Files.PAGE + "\nendobj\n"), true);
+        z.take();
+        Checks.due("it loads", z.load(), 2);
+        Checks.due("in that order", pages(z), "4 3 ");
         Files generation = new Files().object(1, Files.CATALOG).object(3, Files.PAGE);
         int begin = generation.length();
         generation.raw("2 5 obj << /Type /Pages /Kids [ 3 0 R ] /Count 1 >> endobj ");
