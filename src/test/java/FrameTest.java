@@ -750,7 +750,7 @@ public final class FrameTest {
         Checks.due("object 0: objects", zero.objects(), 3);
         // A pair's entries ahead of it are wrong, or the array is, as a whole.
         for (int more = 0; more < 4; more++) {
-            Checks.refuses("so many bytes of an entry ahead of a limit: " + more, rows(TOLD + " /Index [ 0 5 201 0 ]", DATA + "abc".substring(0, more % 4)),
+            Checks.refuses("so many bytes of an entry ahead of a limit: " + more, rows(TOLD + " /Index [ 0 5 201 0 ]", DATA + "abc".substring(0, more)),
                     3, BEGIN);
         }
         Checks.refuses("a kind ahead of a limit", rows(TOLD + " /Index [ 0 4 201 0 ]", DATA.replace(row(0, 0, 255), row(3, 0, 0))), 3, BEGIN);

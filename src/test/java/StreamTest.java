@@ -534,10 +534,9 @@ public final class StreamTest {
         Checks.refuses("behind its number", Files.empty().raw(body).at(3, PLACE + 6).table("/Root 1 0 R"), 6, PLACE + 6);
         Checks.refuses("within the remark", Files.empty().raw("%x3 0 obj null endobj\n").at(3, PLACE + 1).table("/Root 1 0 R"), 6, PLACE + 1);
         Checks.loads("behind the remark's sign", Files.empty().raw("%3 0 obj null endobj\n").at(3, PLACE + 1).table("/Root 1 0 R"), 0);
-        String file = Files.empty().at(3, 1000000000).table("/Root 1 0 R");
-        for (int place : new int[] {file.length() - 1, file.length(), file.length() + 1, 8000, 1999999999}) {
-            Checks.refuses("at " + place, Files.empty().at(3, place).table("/Root 1 0 R").substring(0), 6,
-                    Math.min(place, Files.empty().at(3, place).table("/Root 1 0 R").length()));
+        int length = Files.empty().at(3, 0).table("/Root 1 0 R").length();
+        for (int place : new int[] {0, length - 1, length, length + 1, 8000, 1999999999}) {
+            Checks.refuses("at " + place, Files.empty().at(3, place).table("/Root 1 0 R"), 6, Math.min(place, length));
         }
     }
 
