@@ -30,6 +30,7 @@ public final class ChangeTest {
         fullOfNumbers();
         fullOfPages();
         insideAStream();
+        infoInsideAStream();
         referencesStay();
         changesAreForgotten();
         Checks.end();
@@ -820,6 +821,31 @@ public final class ChangeTest {
         Checks.due("it loads", x.load(), 2);
         Checks.due("turned", x.page(0, 5), 90);
         Checks.due("a row stream again", x.count(4), 1);
+    }
+
+    /** Info in an object stream is changed as well, and written as an object of generation 0. */
+    private static void infoInsideAStream() {
+        Files files = Files.paged().stream(4, "/Type /ObjStm /N 1 /First 4", "5 0 << /Title (old) /X 1 >>");
+        int begin = files.length();
+        StringBuilder rows = new StringBuilder();
+        for (int n = 1; n <= 4; n++) {
+            rows.append('\1').append((char) (files.placeOf(n) >> 8)).append((char) (files.placeOf(n) & 255)).append('\0');
+        }
+        files.raw("6 0 obj << /Type /XRef /Size 7 /W [ 1 2 1 ] /Index [ 1 5 ] /Root 1 0 R /Info 5 0 R /Length 20 >> stream\n" + rows + "\2\0\4\0"
+                + "\nendstream endobj ");
+        House x = Checks.loads("Info inside", files.end(begin), 1);
+        Checks.due("its number", x.count(2), 5);
+        Checks.due("Title", Files.info(x, 0, "new"), 5);
+        Checks.due("Author", Files.info(x, 1, "a"), 5);
+        Checks.due("one is changed", x.count(6), 1);
+        Checks.due("as an object", written(x, 5), "<< /Title (new) /X 1 /Author (a) >>");
+        Checks.due("the stream stays", x.size(4), 27);
+        x.more();
+        x.take();
+        Checks.due("it loads", x.load(), 1);
+        Checks.due("Info", x.count(2), 5);
+        x.go(5);
+        Checks.due("its entries", x.here(2), 3);
     }
 
     /** References that stand in what is changed stay as they are, also such as lead nowhere. */

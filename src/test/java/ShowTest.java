@@ -889,8 +889,21 @@ public final class ShowTest {
         glyph("all is as at the beginning", x, 3, 'A', 0, 0, 0, 4);
         Checks.due("none such", x.show(2), -1);
         Checks.due("they stay", x.glyph(3, 0), 'A');
+        Checks.due("insert", x.insert(0, 5, 5) > 0, true);
+        Checks.due("they stay behind insert", x.glyph(3, 0), 'A');
+        Checks.due("move", x.move(1, 0) > 0, true);
+        Checks.due("they stay behind move", x.glyph(3, 0), 'A');
+        Checks.due("turn", x.turn(0, 90), true);
+        Checks.due("they stay behind turn", x.glyph(3, 0), 'A');
+        Checks.due("info", Files.info(x, 0, "t") > 0, true);
+        Checks.due("they stay behind info", x.glyph(3, 0), 'A');
+        Checks.due("contents", Files.contents(x, 0, "ET") > 0, true);
+        Checks.due("they stay behind contents", x.glyph(3, 0), 'A');
+        Checks.due("whole and more", x.whole() > 0 && x.more() > 0, true);
+        Checks.due("they stay behind writing", x.glyph(3, 0), 'A');
         x.delete(0);
-        Checks.due("they stay behind a change", x.glyph(3, 0), 'A');
+        Checks.due("they stay behind delete", x.glyph(3, 0), 'A');
+        Checks.due("so does the fault", x.fault(2) * 10 + x.fault(3), -1);
         for (int i : new int[] {-2147483648, -1, 4, 1499, 1500, 2147483647}) {
             for (int what = 0; what < 5; what++) {
                 Checks.due("glyph " + i, x.glyph(i, what), -1);
