@@ -430,7 +430,7 @@ public final class WriteTest {
         House x = Checks.loads(read, new Files().object(1, "<< /Type /Catalog /S 3 0 R /Pages 2 0 R >>").object(2, Files.NO_PAGES)
                 .object(3, "<< " + read + " /Length " + data.length() + " >> stream\n" + data + "\nendstream").table("/Root 1 0 R"), 0);
         String text = Files.data(x, 3);
-        String code = plainCode(text);
+        String code = Bits.plainCode(text);
         String want = "\n2 0 obj\n<< " + written + "/Length " + code.length() + " /Filter /FlateDecode >>\nstream\n" + code + "\nendstream\nendobj\n";
         Checks.due(read, whole(x).contains(want), true);
         x.take();
@@ -449,50 +449,6 @@ public final class WriteTest {
         streamDict("/Filter [ ]", "abc", "");
         streamDict("/Lengths 1 /Filte 2 /DecodeParm 3", "abc", "/Lengths 1 /Filte 2 /DecodeParm 3 ");
         streamDict("/Type /XRef /Filter [ /ASCIIHexDecode /FlateDecode ]", Files.hex(flate), "/Type /XRef ");
-    }
-
-    /** The code by the document's words alone: at each place all distances are tried. */
-    private static String plainCode(String text) {
-        Bits bits = begun();
-        int[] bases = {3, 4, 5, 6, 7, 8, 9, 10, 11, 13, 15, 17, 19, 23, 27, 31, 35, 43, 51, 59, 67, 83, 99, 115, 131, 163, 195, 227, 258};
-        int at = 0;
-        while (at < text.length()) {
-            int best = 0;
-            int far = 0;
-            for (int distance = 1; distance <= 2000 && distance <= at; distance++) {
-                int same = 0;
-                while (same < 258 && at + same < text.length() && text.charAt(at + same) == text.charAt(at + same - distance)) {
-                    same++;
-                }
-                if (same > best) {
-                    best = same;
-                    far = distance;
-                }
-            }
-            if (best < 3) {
-                int c = text.charAt(at);
-                bits.code(c < 144 ? 48 + c : 256 + c, c < 144 ? 8 : 9);
-                at++;
-                continue;
-            }
-            int kind = 28;
-            while (bases[kind] > best) {
-                kind--;
-            }
-            bits.code(kind < 23 ? 1 + kind : 192 + kind - 23, kind < 23 ? 7 : 8);
-            bits.add(best - bases[kind], kind < 8 || kind == 28 ? 0 : kind / 4 - 1);
-            int farKind = 0;
-            int base = 1;
-            int more = 0;
-            while (far >= base + (1 << more)) {
-                base += 1 << more;
-                farKind++;
-                more = Math.max(0, farKind / 2 - 1);
-            }
-            bits.code(farKind, 5).add(far - base, more);
-            at += best;
-        }
-        return bits.code(0, 7).zlib(text);
     }
 
     private static void codesByThePlainWay() {
@@ -519,7 +475,7 @@ public final class WriteTest {
     }
 
     private static void same(String what, String text) {
-        Checks.due("the code of " + what, Files.hex(coded(text)), Files.hex(plainCode(text)));
+        Checks.due("the code of " + what, Files.hex(coded(text)), Files.hex(Bits.plainCode(text)));
     }
 
     /** Rows of 3 to 258 bytes, at distances of all kinds. */
@@ -850,8 +806,8 @@ public final class WriteTest {
         House x = Checks.loads("two streams", new Files().object(1, "<< /Type /Catalog /A 3 0 R /B 4 0 R /Pages 2 0 R >>").object(2, Files.NO_PAGES)
                 .stream(3, "", "abcdefabcdefghi").stream(4, "", "xabcdefghi, abcdefghi").object(5, "(x)").table("/Root 1 0 R"), 0);
         String first = whole(x);
-        Checks.due("the second stream's code", first.contains(plainCode("xabcdefghi, abcdefghi")), true);
-        Checks.due("the first one's", first.contains(plainCode("abcdefabcdefghi")), true);
+        Checks.due("the second stream's code", first.contains(Bits.plainCode("xabcdefghi, abcdefghi")), true);
+        Checks.due("the first one's", first.contains(Bits.plainCode("abcdefabcdefghi")), true);
         x.more();
         String more = Files.out(x);
         Checks.due("whole again", whole(x), first);
