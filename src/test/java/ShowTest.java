@@ -860,6 +860,12 @@ public final class ShowTest {
         x.whole();
         x.take();
         Checks.due("it loads", x.load(), 2);
+        House y = Checks.loads("many letters", new Files().object(1, Files.CATALOG).object(2, Files.ONE_PAGE)
+                .object(3, "<< /Type /Page /Parent 2 0 R /MediaBox [ 0 0 10 20 ] /Contents [ 4 0 R 4 0 R 4 0 R 4 0 R ] >>")
+                .stream(4, "/Filter /FlateDecode", Files.deflated("[" + ("(" + "x".repeat(1990) + ")").repeat(4) + "]")).table("/Root 1 0 R"), 1);
+        for (int i = 0; i < 8; i++) {
+            Checks.due("letters shown " + i, y.show(0), 0);
+        }
     }
 
     /** What one page left open has no part in the next one; the glyphs are those of the page shown last. */

@@ -32,6 +32,7 @@ public final class TokenTest {
         theLastObject();
         twiceCounted();
         onceCounted();
+        fullAgain();
         Checks.end();
     }
 
@@ -382,6 +383,21 @@ public final class TokenTest {
         Checks.loads("a row stream counted twice", filled(sixth + "]", 1), 0);
         String file = filled(sixth + "0 ]", 1);
         Checks.refuses("one more", file, 5, file.lastIndexOf("/Length 36") + 8);
+    }
+
+    /** A house reads a full file again and again, within its 512 calls: objects count anew each time. */
+    private static void fullAgain() {
+        String file = filled("6 0 [" + Files.repeat("0 ", ROOM) + "]", 0);
+        String beyond = filled("6 0 [" + Files.repeat("0 ", ROOM + 1) + "]", 0);
+        Checks.due("short files", file.length() < 700 && beyond.length() < 700, true);
+        House x = new House();
+        for (int i = 0; i < 6; i++) {
+            Checks.due("6000 again " + i, Files.load(x, file), 0);
+            Checks.due("6001 again " + i, Files.load(x, beyond), -105);
+        }
+        Checks.due("6000 at last", Files.load(x, file), 0);
+        x.go(6);
+        Checks.due("its parts", x.here(2), ROOM);
     }
 
     /** A length that is read ahead of its turn counts once, and so does what a holder holds. */
