@@ -17,8 +17,8 @@ import java.util.zip.DataFormatException;
 import java.util.zip.Inflater;
 
 /**
- * A second house, written from the document's words alone, with texts, large numbers and exceptions: what it
- * answers is due of the class, too.
+ * A second house, written from the document with texts, large numbers and exceptions: what it answers is due of
+ * the class, too. Where the words are unclear it takes the readings that NOTES.md lists.
  */
 final class Model {
     private static final int NONE = -1;
